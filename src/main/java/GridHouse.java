@@ -533,23 +533,21 @@ public final class GridHouse {
 
     // ---------------------------------------------------------------- dispatch
 
-    private Dispatch dispatched() {
-        now();
-        dispatch.solve();
-        return dispatch;
-    }
-
     private void testDispatch() {
-        if (!dispatched().found) {
+        if (!dispatch.found) {
             throw new IllegalStateException("there is no dispatch");
         }
     }
 
     public int dispatch() {
-        return dispatched().found ? 1 : 0;
+        now();
+        dispatch.solve();
+        return dispatch.found ? 1 : 0;
     }
 
     public int cost() throws IllegalStateException {
+        now();
+        dispatch.solve();
         testDispatch();
         dispatch.tellCost(hand);
         return hand.made();
@@ -557,6 +555,8 @@ public final class GridHouse {
 
     public int sets(int machine) throws IndexOutOfBoundsException, IllegalStateException {
         testMachine(machine);
+        now();
+        dispatch.solve();
         testDispatch();
         dispatch.tellMachine(machine, hand);
         return hand.made();
@@ -564,6 +564,8 @@ public final class GridHouse {
 
     public int price(int bar) throws IndexOutOfBoundsException, IllegalStateException {
         testBar(bar);
+        now();
+        dispatch.solve();
         testDispatch();
         Shape shape = flow.shape;
         if (!shape.live[shape.island[bar]] || !dispatch.trial(bar)) {
@@ -592,7 +594,8 @@ public final class GridHouse {
 
     public int restore(int n) throws IllegalArgumentException {
         testWithin(n, 1, 3);
-        return rules.bringBack(net, n);
+        rules.setOut(net);
+        return rules.bringBack(n);
     }
 
     public int step(int k) {
@@ -633,8 +636,9 @@ public final class GridHouse {
         static final int BELOW = 29;
         static final int IS = 30;
         private static final int KEY_COUNT = 31;
-        private static final String KEYS = "bar switch line machine load open closed no if and or not then "
-                + "close earth free tag untag it from to tagged live earthed joined lost over loops above below is ";
+        private static final String FIRST_KEYS = "bar switch line machine load open closed no if and or not then ";
+        private static final String MORE_KEYS =
+                "close earth free tag untag it from to tagged live earthed joined lost over loops above below is ";
 
         private static final int NAME_SIZE = 8;
         private static final int NUMBER_SIZE = 6;
@@ -653,15 +657,21 @@ public final class GridHouse {
         int number;
 
         Tape() {
-            int k = 0;
-            for (int i = 0; i < KEYS.length(); i++) {
-                char c = KEYS.charAt(i);
+            learn(MORE_KEYS, learn(FIRST_KEYS, 0));
+        }
+
+        /** Learns keys from number k on: the number behind them. */
+        private int learn(String row, int k) {
+            int next = k;
+            for (int i = 0; i < row.length(); i++) {
+                char c = row.charAt(i);
                 if (c == ' ') {
-                    k++;
-                } else if (k < KEY_COUNT) {
-                    keys[k] = keys[k] << 8 | c;
+                    next++;
+                } else if (next < KEY_COUNT) {
+                    keys[next] = keys[next] << 8 | c;
                 }
             }
+            return next;
         }
 
         void write(int four) {
@@ -717,7 +727,7 @@ public final class GridHouse {
         }
 
         private static boolean isPlain(int b) {
-            return isFigure(b) || b >= 'a' && b <= 'z';
+            return b >= '0' && b <= '9' || b >= 'a' && b <= 'z';
         }
 
         /** The key that the word is, or NONE. */
@@ -804,7 +814,7 @@ public final class GridHouse {
         }
 
         boolean is(int sort, int i, int field) {
-            return at(sort, i, field) == 1;
+            return value[sort][i * WIDTH[sort] + field] == 1;
         }
 
         boolean hasShort() {
@@ -874,8 +884,12 @@ public final class GridHouse {
 
         /** The number of the object of a sort that the tape's word names, or NONE. */
         int named(Tape tape, int sort) {
-            int found = named(tape.word);
-            return found != NONE && found / 100 == sort ? found % 100 : NONE;
+            for (int i = 0; i < count[sort]; i++) {
+                if (names[sort][i] == tape.word) {
+                    return i;
+                }
+            }
+            return NONE;
         }
 
         /** Reads a net: how many bars; with a fault -1 less its place. */
@@ -975,6 +989,12 @@ public final class GridHouse {
         final int[] row = new int[BARS];
         /** By islands. */
         final boolean[] live = new boolean[BARS];
+        /** By lines: the nodes of the ends, and whether it is IN and joins two nodes. */
+        final int[][] ends = new int[LINES][2];
+        private final boolean[] joins = new boolean[LINES];
+        /** By machines: the node, and whether it is ON. */
+        final int[] spot = new int[MACHINES];
+        final boolean[] on = new boolean[MACHINES];
         int nodes;
         int islands;
         int lives;
@@ -996,14 +1016,17 @@ public final class GridHouse {
             }
             System.arraycopy(node, 0, island, 0, BARS);
             for (int l = 0; l < net.count[LINE]; l++) {
-                if (net.is(LINE, l, IN)) {
-                    join(island, net.at(LINE, l, LINE_ENDS), net.at(LINE, l, LINE_ENDS + 1));
+                ends[l][0] = node[net.at(LINE, l, LINE_ENDS)];
+                ends[l][1] = node[net.at(LINE, l, LINE_ENDS + 1)];
+                joins[l] = net.is(LINE, l, IN) && ends[l][0] != ends[l][1];
+                if (joins[l]) {
+                    join(island, ends[l][0], ends[l][1]);
                 }
             }
             for (int m = 0; m < net.count[MACHINE]; m++) {
-                if (net.is(MACHINE, m, ON)) {
-                    live[islandOf(MACHINE, m, MACHINE_BAR)] = true;
-                }
+                spot[m] = node[net.at(MACHINE, m, MACHINE_BAR)];
+                on[m] = net.is(MACHINE, m, ON);
+                live[island[spot[m]]] = live[island[spot[m]]] || on[m];
             }
             tally();
         }
@@ -1029,26 +1052,38 @@ public final class GridHouse {
             }
         }
 
-        int nodeOf(int sort, int i, int field) {
-            return node[net.at(sort, i, field)];
+        int islandOfLine(int line) {
+            return island[ends[line][0]];
         }
 
-        int islandOf(int sort, int i, int field) {
-            return island[net.at(sort, i, field)];
+        int islandOfMachine(int machine) {
+            return island[spot[machine]];
         }
 
-        int rowOf(int sort, int i, int field) {
-            return row[net.at(sort, i, field)];
+        int islandOfLoad(int load) {
+            return island[net.at(LOAD, load, LOAD_BAR)];
         }
 
+        int rowOfEnd(int line, int end) {
+            return row[ends[line][end]];
+        }
+
+        int rowOfMachine(int machine) {
+            return row[spot[machine]];
+        }
+
+        int rowOfLoad(int load) {
+            return row[net.at(LOAD, load, LOAD_BAR)];
+        }
+
+        /** Whether a machine is ON and in a taken island. */
         boolean isMachineIn(int machine, boolean[] taken) {
-            return net.is(MACHINE, machine, ON) && taken[islandOf(MACHINE, machine, MACHINE_BAR)];
+            return on[machine] && taken[island[spot[machine]]];
         }
 
         /** Whether a line is IN, in a taken island, and joins two nodes. */
         boolean isLineIn(int line, boolean[] taken) {
-            return net.is(LINE, line, IN) && taken[islandOf(LINE, line, LINE_ENDS)]
-                    && nodeOf(LINE, line, LINE_ENDS) != nodeOf(LINE, line, LINE_ENDS + 1);
+            return joins[line] && taken[island[ends[line][0]]];
         }
 
         /** How many more closed switches and lines that are IN there are than are needed. */
@@ -1085,7 +1120,7 @@ public final class GridHouse {
             for (int l = 0; l < net.count[LINE]; l++) {
                 if (l != but && isLineIn(l, taken)) {
                     long x = net.at(LINE, l, field);
-                    solver.edge(rowOf(LINE, l, LINE_ENDS), rowOf(LINE, l, LINE_ENDS + 1), solver.inverse(x));
+                    solver.edge(row[ends[l][0]], row[ends[l][1]], solver.inverse(x));
                     product = product * x % solver.prime;
                 }
             }
@@ -1102,7 +1137,11 @@ public final class GridHouse {
         }
 
         static int bitsOf(int v) {
-            return 32 - Integer.numberOfLeadingZeros(v);
+            int bits = 0;
+            for (int left = v; left > 0; left >>= 1) {
+                bits++;
+            }
+            return bits;
         }
     }
 
@@ -1123,7 +1162,7 @@ public final class GridHouse {
         private final boolean[] solvable = new boolean[BARS];
         final boolean[] stuck = new boolean[BARS];
         /** By nodes: the angle times the whole times the island's total. */
-        private final Big[] top = Big.row(BARS, 12);
+        private final Big[] top = Big.many(BARS, 12);
         private final Big whole = new Big(12);
         private final Big one = new Big(16);
         private final Big other = new Big(16);
@@ -1169,7 +1208,7 @@ public final class GridHouse {
 
         private void addLoads() {
             for (int i = 0; i < net.count[LOAD]; i++) {
-                int island = shape.islandOf(LOAD, i, LOAD_BAR);
+                int island = shape.islandOfLoad(i);
                 int mw = net.at(LOAD, i, LOAD_MW);
                 gap[island] += mw;
                 lost += shape.live[island] ? 0 : mw;
@@ -1178,8 +1217,8 @@ public final class GridHouse {
 
         private void addMachines() {
             for (int m = 0; m < net.count[MACHINE]; m++) {
-                if (net.is(MACHINE, m, ON)) {
-                    int island = shape.islandOf(MACHINE, m, MACHINE_BAR);
+                if (shape.on[m]) {
+                    int island = shape.islandOfMachine(m);
                     gap[island] -= net.at(MACHINE, m, OUTPUT);
                     total[island] += net.at(MACHINE, m, SHARE);
                 }
@@ -1188,7 +1227,7 @@ public final class GridHouse {
 
         /** What a machine gives, times its island's total. */
         private int given(int machine) {
-            int island = shape.islandOf(MACHINE, machine, MACHINE_BAR);
+            int island = shape.islandOfMachine(machine);
             if (!shape.isMachineIn(machine, solvable)) {
                 return 0;
             }
@@ -1211,16 +1250,16 @@ public final class GridHouse {
                     solver.close();
                 }
             }
-            solver.settle(top, whole);
+            solver.settle(top, BARS);
         }
 
         private void inject(int column) {
             for (int m = 0; m < net.count[MACHINE]; m++) {
-                solver.plus(shape.rowOf(MACHINE, m, MACHINE_BAR), column, given(m));
+                solver.plus(shape.rowOfMachine(m), column, given(m));
             }
             for (int i = 0; i < net.count[LOAD]; i++) {
-                int island = shape.islandOf(LOAD, i, LOAD_BAR);
-                solver.plus(shape.rowOf(LOAD, i, LOAD_BAR), column, -net.at(LOAD, i, LOAD_MW) * total[island]);
+                int island = shape.islandOfLoad(i);
+                solver.plus(shape.rowOfLoad(i), column, -net.at(LOAD, i, LOAD_MW) * total[island]);
             }
         }
 
@@ -1233,7 +1272,7 @@ public final class GridHouse {
 
         void tellGiven(int machine, Hand hand) {
             hand.above.put(given(machine));
-            hand.below.put(total[shape.islandOf(MACHINE, machine, MACHINE_BAR)]);
+            hand.below.put(total[shape.islandOfMachine(machine)]);
         }
 
         void tellCarried(int line, Hand hand) {
@@ -1246,9 +1285,9 @@ public final class GridHouse {
             above.put(0);
             below.copy(whole);
             if (shape.isLineIn(line, solvable)) {
-                above.copy(top[shape.nodeOf(LINE, line, LINE_ENDS)]);
-                above.less(top[shape.nodeOf(LINE, line, LINE_ENDS + 1)]);
-                below.scale(net.at(LINE, line, LINE_X) * total[shape.islandOf(LINE, line, LINE_ENDS)]);
+                above.copy(top[shape.ends[line][0]]);
+                above.less(top[shape.ends[line][1]]);
+                below.scale(net.at(LINE, line, LINE_X) * total[shape.islandOfLine(line)]);
             }
         }
 
@@ -1274,7 +1313,7 @@ public final class GridHouse {
             troubles = 0;
             stage.net.copy(net);
             for (int l = 0; l < net.count[LINE]; l++) {
-                if (net.is(LINE, l, IN) && shape.live[shape.islandOf(LINE, l, LINE_ENDS)]) {
+                if (net.is(LINE, l, IN) && shape.live[shape.islandOfLine(l)]) {
                     stage.net.put(LINE, l, IN, 0);
                     stage.look();
                     stage.countOver();
@@ -1314,7 +1353,7 @@ public final class GridHouse {
             limb = new long[Math.max(limbs, 3)];
         }
 
-        static Big[] row(int count, int limbs) {
+        static Big[] many(int count, int limbs) {
             Big[] all = new Big[Math.max(count, 0)];
             for (int i = 0; i < all.length; i++) {
                 all[i] = new Big(limbs);
@@ -1386,26 +1425,24 @@ public final class GridHouse {
         }
 
         void more(Big b) {
-            join(b, b.minus);
-        }
-
-        void less(Big b) {
-            join(b, !b.minus);
-        }
-
-        private void join(Big b, boolean minusToo) {
-            if (minus == minusToo) {
+            if (minus == b.minus) {
                 grow(b);
-                return;
-            }
-            int order = compareSize(b);
-            if (order == 0) {
-                put(0);
-            } else if (order > 0) {
+            } else if (compareSize(b) >= 0) {
                 shrink(this, b);
             } else {
                 shrink(b, this);
-                minus = minusToo;
+                minus = b.minus;
+            }
+        }
+
+        void less(Big b) {
+            if (minus != b.minus) {
+                grow(b);
+            } else if (compareSize(b) >= 0) {
+                shrink(this, b);
+            } else {
+                shrink(b, this);
+                minus = !b.minus;
             }
         }
 
@@ -1433,8 +1470,19 @@ public final class GridHouse {
                 borrow = left < 0 ? 1 : 0;
                 limb[i] = left & MASK;
             }
+            while (most > 0 && limb[most - 1] == 0) {
+                most--;
+            }
             size = most;
-            trim();
+            minus = minus && size > 0;
+        }
+
+        /** This, which is not below 0, less m, if it is above half of m. */
+        void wrap(Big m, Big half) {
+            if (compareSize(half) > 0) {
+                shrink(m, this);
+                minus = true;
+            }
         }
 
         /** This, which is neither a nor b, becomes a b. */
@@ -1544,8 +1592,8 @@ public final class GridHouse {
             long two = high << SHIFT | limb[j + n - 1];
             long often = Math.min(two / Math.max(d.limb[n - 1], 1), MASK);
             long third = limb[j + n - 2];
-            while (often * d.limb[n - 2] > (two - often * d.limb[n - 1] << SHIFT | third)
-                    && two - often * d.limb[n - 1] < BASE) {
+            for (int turn = 0; turn < 3 && two - often * d.limb[n - 1] < BASE
+                    && often * d.limb[n - 2] > (two - often * d.limb[n - 1] << SHIFT | third); turn++) {
                 often--;
             }
             long borrow = 0;
@@ -1578,6 +1626,8 @@ public final class GridHouse {
     private static final class Solver {
         private static final int ROWS = 32;
         private static final int WIDE = 48;
+        /** Above what two numbers below 2^31 need to find their greatest common one. */
+        private static final int EUCLID = 64;
         /** How many bits each prime is good for. */
         private static final int PRIME_BITS = 30;
         private static final long[] PRIMES = {
@@ -1609,7 +1659,9 @@ public final class GridHouse {
         }
 
         void start(int bits, Big[] tops, Big whole) {
-            start(bits);
+            next = 0;
+            bitsLeft = bits + 2;
+            modulus.put(1);
             whole.put(0);
             for (int i = 0; i < tops.length; i++) {
                 tops[i].put(0);
@@ -1639,19 +1691,12 @@ public final class GridHouse {
             x.moreTimes(modulus, more);
         }
 
-        /** Behind the last prime: gives x its sign. */
-        void settle(Big x) {
+        /** Behind the last prime: gives the first wholes of a row their signs. */
+        void settle(Big[] all, int count) {
             half.copy(modulus);
             half.shorten(2);
-            if (x.compareSize(half) > 0) {
-                x.less(modulus);
-            }
-        }
-
-        void settle(Big[] tops, Big whole) {
-            settle(whole);
-            for (int i = 0; i < tops.length; i++) {
-                settle(tops[i]);
+            for (int i = 0; i < count && i < all.length; i++) {
+                all[i].wrap(modulus, half);
             }
         }
 
@@ -1687,13 +1732,20 @@ public final class GridHouse {
             }
         }
 
-        /** A thing between two nodes, or between one and a node NONE, whose potential is 0. */
+        /** A thing between two nodes, or between one and a node NONE, whose potential is 0; weight not below 0. */
         void edge(int u, int v, long weight) {
-            plus(u, u, weight);
-            plus(v, v, weight);
-            if (u >= 0 && v >= 0) {
-                plus(u, v, -weight);
-                plus(v, u, -weight);
+            boolean hasU = u >= 0 && u < ROWS;
+            boolean hasV = v >= 0 && v < ROWS;
+            if (hasU) {
+                cell[u][u] = (cell[u][u] + weight) % prime;
+            }
+            if (hasV) {
+                cell[v][v] = (cell[v][v] + weight) % prime;
+            }
+            if (hasU && hasV) {
+                long minus = prime - weight % prime;
+                cell[u][v] = (cell[u][v] + minus) % prime;
+                cell[v][u] = (cell[v][u] + minus) % prime;
             }
         }
 
@@ -1702,13 +1754,13 @@ public final class GridHouse {
             return left < 0 ? left + prime : left;
         }
 
-        /** 1 by v; 0, if there is none. */
+        /** 1 by v, which is not below 0; 0, if there is none. */
         long inverse(long v) {
             long great = prime;
-            long small = residue(v);
+            long small = v % prime;
             long was = 0;
             long is = 1;
-            while (small > 0) {
+            for (int turn = 0; turn < EUCLID && small > 0; turn++) {
                 long often = great / small;
                 long left = great - often * small;
                 great = small;
@@ -1717,7 +1769,7 @@ public final class GridHouse {
                 was = is;
                 is = then;
             }
-            return great == 1 ? residue(was) : 0;
+            return great != 1 ? 0 : was < 0 ? was + prime : was;
         }
 
         /** Reduces the rows by their first columns, each leader being 1 and alone in its column: the rank. */
@@ -1839,7 +1891,7 @@ public final class GridHouse {
         private static void putCommon(Big answer, long a, long b) {
             long great = a;
             long small = b;
-            while (small > 0) {
+            for (int turn = 0; turn < TURNS && small > 0; turn++) {
                 long left = great % small;
                 great = small;
                 small = left;
@@ -1900,11 +1952,11 @@ public final class GridHouse {
         final boolean[] seen = new boolean[BARS];
         final boolean[] whole = new boolean[BARS];
         /** By nodes the angle, by meters REST, and SPREAD times the weight, all times the common number. */
-        private final Big[] top = Big.row(BARS, 32);
-        private final Big[] rests = Big.row(MOST, 32);
-        private final Big[] spreads = Big.row(MOST, 32);
+        private final Big[] top = Big.many(BARS, 32);
+        private final Big[] rests = Big.many(MOST, 32);
+        private final Big[] spreads = Big.many(MOST, 32);
         private final Big common = new Big(32);
-        private final Big[] help = Big.row(4, 96);
+        private final Big[] help = Big.many(4, 96);
         private final long[][] shows = new long[MOST][BARS];
         private final int[] ranks = new int[BARS];
 
@@ -1941,8 +1993,7 @@ public final class GridHouse {
         }
 
         private int islandOf(int meter) {
-            return kind[meter] == OF_LINE ? shape.islandOf(LINE, place[meter], LINE_ENDS)
-                    : shape.island[place[meter]];
+            return kind[meter] == OF_LINE ? shape.island[shape.ends[place[meter]][0]] : shape.island[place[meter]];
         }
 
         boolean isWhole(int meter) {
@@ -1966,10 +2017,10 @@ public final class GridHouse {
             } else if (kind[meter] == OF_NODE) {
                 int node = shape.node[place[meter]];
                 for (int l = 0; l < net.count[LINE]; l++) {
-                    if (shape.nodeOf(LINE, l, LINE_ENDS) == node) {
+                    if (shape.ends[l][0] == node) {
                         layLine(l, 1, into);
                     }
-                    if (shape.nodeOf(LINE, l, LINE_ENDS + 1) == node) {
+                    if (shape.ends[l][1] == node) {
                         layLine(l, -1, into);
                     }
                 }
@@ -1980,15 +2031,15 @@ public final class GridHouse {
 
         private void layLine(int line, int sign, long[] into) {
             if (net.is(LINE, line, IN)) {
-                long by = sign * solver.inverse(net.at(LINE, line, LINE_X));
-                layAngle(shape.rowOf(LINE, line, LINE_ENDS), by, into);
-                layAngle(shape.rowOf(LINE, line, LINE_ENDS + 1), -by, into);
+                long by = solver.inverse(net.at(LINE, line, LINE_X));
+                layAngle(shape.rowOfEnd(line, 0), sign > 0 ? by : solver.prime - by, into);
+                layAngle(shape.rowOfEnd(line, 1), sign > 0 ? solver.prime - by : by, into);
             }
         }
 
         private void layAngle(int row, long by, long[] into) {
             if (row >= 0 && row < into.length) {
-                into[row] = solver.residue(into[row] + by);
+                into[row] = (into[row] + by) % solver.prime;
             }
         }
 
@@ -2066,11 +2117,9 @@ public final class GridHouse {
                     solver.close();
                 }
             }
-            solver.settle(top, common);
-            for (int m = 0; m < count; m++) {
-                solver.settle(rests[m]);
-                solver.settle(spreads[m]);
-            }
+            solver.settle(top, BARS);
+            solver.settle(rests, count);
+            solver.settle(spreads, count);
         }
 
         private static void clearTops(Big[] all) {
@@ -2202,17 +2251,17 @@ public final class GridHouse {
         private int island;
         private int place;
         /** By nodes, the PLACE behind them: P1 times whole 1, P0 times whole 0. */
-        private final Big[] top1 = Big.row(BARS + 1, 16);
-        private final Big[] top0 = Big.row(BARS + 1, 16);
-        private final Big[] whole = Big.row(2, 16);
+        private final Big[] top1 = Big.many(BARS + 1, 16);
+        private final Big[] top0 = Big.many(BARS + 1, 16);
+        private final Big[] whole = Big.many(2, 16);
         /** I0, I1, I2 are E times these, times whole 0, 1, 1, by below. */
-        private final Big[] part = Big.row(3, 96);
+        private final Big[] part = Big.many(3, 96);
         private final Big below = new Big(96);
         /** The numbers 0, 1, 2 asked for last, times below and reach. */
-        private final Big[] part3 = Big.row(3, 96);
+        private final Big[] part3 = Big.many(3, 96);
         private final int[] reach = new int[3];
-        private final Big[] square = Big.row(2, 96);
-        private final Big[] help = Big.row(4, 96);
+        private final Big[] square = Big.many(2, 96);
+        private final Big[] help = Big.many(4, 96);
         /** What a row of a relay compares: first, and second times SETTING's square. */
         private final Big first = new Big(96);
         private final Big second = new Big(96);
@@ -2228,7 +2277,7 @@ public final class GridHouse {
                 return;
             }
             known = true;
-            active = net.hasShort() && find();
+            active = net.hasShort() && isThere();
             for (int i = 0; i < 3; i++) {
                 part[i].put(0);
             }
@@ -2253,8 +2302,8 @@ public final class GridHouse {
         }
 
         /** Finds the island: whether the short is not void. */
-        private boolean find() {
-            island = isOnLine() ? shape.islandOf(LINE, net.shortLine, LINE_ENDS) : shape.island[net.shortBar];
+        private boolean isThere() {
+            island = isOnLine() ? shape.islandOfLine(net.shortLine) : shape.island[net.shortBar];
             place = isOnLine() ? PLACE : shape.node[net.shortBar];
             for (int b = 0; b < BARS; b++) {
                 taken[b] = b == island;
@@ -2291,7 +2340,7 @@ public final class GridHouse {
                     solver.close();
                 }
             }
-            solver.settle(tops, all);
+            solver.settle(tops, BARS + 1);
             if (!isOnLine()) {
                 tops[PLACE].copy(tops[place]);
             }
@@ -2314,13 +2363,13 @@ public final class GridHouse {
             for (int m = 0; m < net.count[MACHINE]; m++) {
                 int x = net.at(MACHINE, m, zero ? MACHINE_Z : MACHINE_X);
                 if (x > 0 && shape.isMachineIn(m, taken)) {
-                    solver.edge(shape.rowOf(MACHINE, m, MACHINE_BAR), NONE, solver.inverse(x));
+                    solver.edge(shape.rowOfMachine(m), NONE, solver.inverse(x));
                     product = product * x % solver.prime;
                 }
             }
             for (int end = 0; end < 2 && isOnLine(); end++) {
                 long x = (long) net.at(LINE, net.shortLine, field) * sixteenths(end);
-                solver.edge(shape.rowOf(LINE, net.shortLine, LINE_ENDS + end), placeRow, 16 * solver.inverse(x));
+                solver.edge(shape.rowOfEnd(net.shortLine, end), placeRow, 16 * solver.inverse(x));
                 product = product * x % solver.prime;
             }
             return product;
@@ -2413,8 +2462,8 @@ public final class GridHouse {
         /** The currents into a line at an end become the numbers asked for. */
         void currents(int line, int end) {
             boolean at = active && line == net.shortLine;
-            int near = shape.nodeOf(LINE, line, LINE_ENDS + end);
-            int far = at ? PLACE : shape.nodeOf(LINE, line, LINE_ENDS + 1 - end);
+            int near = shape.ends[line][end];
+            int far = at ? PLACE : shape.ends[line][1 - end];
             boolean flows = active && net.is(LINE, line, IN) && shape.island[near] == island;
             for (int s = 0; s < 3; s++) {
                 Big[] tops = s == 0 ? top0 : top1;
@@ -2487,7 +2536,7 @@ public final class GridHouse {
             boolean may = part3[1].sign() > 0 && square[phase].sign() > 0;
             long far = (long) reach[0] * reach[1];
             second.copy(square[phase]);
-            volts(shape.nodeOf(LINE, line, LINE_ENDS + end));
+            volts(shape.ends[line][end]);
             squares();
             first.copy(square[phase]);
             first.scale(far);
@@ -2627,7 +2676,11 @@ public final class GridHouse {
             int acts = 0;
             long now = nextTime();
             for (int turn = 0; turn < TURNS && now <= until; turn++) {
-                acts += openAll(now) + backUpAll(now) + tripAll(now);
+                int openings = openAll(now);
+                if (openings > 0) {
+                    look(now);
+                }
+                acts += openings + backUpAll(now) + tripAll(now);
                 now = nextTime();
             }
             time = until;
@@ -2651,14 +2704,13 @@ public final class GridHouse {
                 if (openAt[s] == now) {
                     openAt[s] = NEVER;
                     net.put(SWITCH, s, STATE, 0);
-                    opened[openedCount][0] = s;
-                    opened[openedCount][1] = now;
-                    openedCount = Math.min(openedCount + 1, SWITCHES);
+                    if (openedCount < SWITCHES) {
+                        opened[openedCount][0] = s;
+                        opened[openedCount][1] = now;
+                        openedCount++;
+                    }
                     acts++;
                 }
-            }
-            if (acts > 0) {
-                look(now);
             }
             return acts;
         }
@@ -2676,16 +2728,19 @@ public final class GridHouse {
         }
 
         private void backUp(int failed, long now) {
-            Shape shape = shorts.shape;
-            int a = shape.nodeOf(SWITCH, failed, SWITCH_ENDS);
-            int b = shape.nodeOf(SWITCH, failed, SWITCH_ENDS + 1);
+            int a = nodeOf(failed, 0);
+            int b = nodeOf(failed, 1);
             for (int s = 0; s < net.count[SWITCH]; s++) {
-                int c = shape.nodeOf(SWITCH, s, SWITCH_ENDS);
-                int d = shape.nodeOf(SWITCH, s, SWITCH_ENDS + 1);
+                int c = nodeOf(s, 0);
+                int d = nodeOf(s, 1);
                 if (s != failed && (a == c || a == d || b == c || b == d)) {
                     command(s, now);
                 }
             }
+        }
+
+        private int nodeOf(int sw, int atEnd) {
+            return shorts.shape.node[net.at(SWITCH, sw, SWITCH_ENDS + atEnd)];
         }
 
         private int tripAll(long now) {
@@ -2752,11 +2807,11 @@ public final class GridHouse {
         private int columns;
         private final int[] rowVariable = new int[ROWS];
         private final int[] columnVariable = new int[COLUMNS];
-        private final Big[] cell = Big.row(ALL_ROWS * COLUMNS, 16);
+        private final Big[] cell = Big.many(ALL_ROWS * COLUMNS, 16);
         private final Big common = new Big(16);
-        private final Big[] help = Big.row(4, 40);
+        private final Big[] help = Big.many(4, 40);
         /** By machines what they give, then the cost, then the number below all these. */
-        private final Big[] best = Big.row(MACHINES + 2, 16);
+        private final Big[] best = Big.many(MACHINES + 2, 16);
         boolean known;
         boolean found;
 
@@ -2829,7 +2884,7 @@ public final class GridHouse {
         private void cut() {
             parts = 0;
             for (int m = 0; m < net.count[MACHINE]; m++) {
-                if (net.is(MACHINE, m, ON)) {
+                if (shape.on[m]) {
                     int range = net.at(MACHINE, m, HI) - net.at(MACHINE, m, LO);
                     int cheap = Math.min(range, Math.max(0, net.at(MACHINE, m, BREAK) - net.at(MACHINE, m, LO)));
                     boolean same = net.at(MACHINE, m, CHEAP) == net.at(MACHINE, m, DEAR);
@@ -2857,7 +2912,7 @@ public final class GridHouse {
         }
 
         private int islandOf(int part) {
-            return shape.islandOf(MACHINE, machineOf[part], MACHINE_BAR);
+            return shape.islandOfMachine(machineOf[part]);
         }
 
         /** Gives each live island's load to its parts, as if no line had a limit: whether that goes. */
@@ -2874,10 +2929,10 @@ public final class GridHouse {
         private boolean shareIn(int island, int more) {
             int need = more != NONE && shape.island[more] == island ? 1 : 0;
             for (int i = 0; i < net.count[LOAD]; i++) {
-                need += shape.islandOf(LOAD, i, LOAD_BAR) == island ? net.at(LOAD, i, LOAD_MW) : 0;
+                need += shape.islandOfLoad(i) == island ? net.at(LOAD, i, LOAD_MW) : 0;
             }
             for (int m = 0; m < net.count[MACHINE]; m++) {
-                boolean here = net.is(MACHINE, m, ON) && shape.islandOf(MACHINE, m, MACHINE_BAR) == island;
+                boolean here = shape.on[m] && shape.islandOfMachine(m) == island;
                 need -= here ? net.at(MACHINE, m, LO) : 0;
             }
             for (int i = 0; i < parts && need >= 0; i++) {
@@ -2936,23 +2991,20 @@ public final class GridHouse {
                     solver.close();
                 }
             }
-            solver.settle(common);
-            for (int i = 0; i < rows * COLUMNS; i++) {
-                solver.settle(cell[i]);
-            }
+            solver.settle(cell, rows * COLUMNS);
         }
 
         private void injectStart(int column, int more) {
             for (int i = 0; i < net.count[LOAD]; i++) {
-                solver.plus(shape.rowOf(LOAD, i, LOAD_BAR), column, -net.at(LOAD, i, LOAD_MW));
+                solver.plus(shape.rowOfLoad(i), column, -net.at(LOAD, i, LOAD_MW));
             }
             for (int m = 0; m < net.count[MACHINE]; m++) {
-                if (net.is(MACHINE, m, ON)) {
-                    solver.plus(shape.rowOf(MACHINE, m, MACHINE_BAR), column, net.at(MACHINE, m, LO));
+                if (shape.on[m]) {
+                    solver.plus(shape.rowOfMachine(m), column, net.at(MACHINE, m, LO));
                 }
             }
             for (int i = 0; i < parts; i++) {
-                solver.plus(shape.rowOf(MACHINE, machineOf[i], MACHINE_BAR), column, startOf[i]);
+                solver.plus(shape.rowOfMachine(machineOf[i]), column, startOf[i]);
             }
             if (more != NONE) {
                 solver.plus(shape.row[more], column, -1);
@@ -2962,9 +3014,9 @@ public final class GridHouse {
         private void injectColumn(int column, int part) {
             int way = turned[part] ? -1 : 1;
             int keeps = keeper[islandOf(part)];
-            solver.plus(shape.rowOf(MACHINE, machineOf[part], MACHINE_BAR), column, way);
+            solver.plus(shape.rowOfMachine(machineOf[part]), column, way);
             if (keeps != NONE) {
-                solver.plus(shape.rowOf(MACHINE, machineOf[keeps], MACHINE_BAR), column, -way);
+                solver.plus(shape.rowOfMachine(machineOf[keeps]), column, -way);
             }
         }
 
@@ -2973,8 +3025,8 @@ public final class GridHouse {
             for (int r = 0; r < rows; r++) {
                 int line = rowVariable[r] - PARTS;
                 if (line >= 0) {
-                    int from = shape.rowOf(LINE, line, LINE_ENDS);
-                    int to = shape.rowOf(LINE, line, LINE_ENDS + 1);
+                    int from = shape.rowOfEnd(line, 0);
+                    int to = shape.rowOfEnd(line, 1);
                     long by = solver.inverse(net.at(LINE, line, LINE_X)) * times % solver.prime;
                     for (int c = 0; c < columns; c++) {
                         long fall = (from < 0 ? 0 : solver.cell[from][n + c]) - (to < 0 ? 0 : solver.cell[to][n + c]);
@@ -2988,7 +3040,7 @@ public final class GridHouse {
         /** Fills the rows of keepers, of the cost, and of what each machine gives. */
         private void fillParts() {
             for (int m = 0; m < net.count[MACHINE]; m++) {
-                if (net.is(MACHINE, m, ON)) {
+                if (shape.on[m]) {
                     int low = net.at(MACHINE, m, LO);
                     int cheap = Math.min(low, net.at(MACHINE, m, BREAK));
                     add(rows + 1 + m, 0, low);
@@ -3129,7 +3181,9 @@ public final class GridHouse {
         private static final int STEPS = 24;
         private static final int BRACKETS = 8;
         private static final int TRIED = 8;
-        private static final int CODE = 4096;
+        /** What a text of 4000 bytes can come to, and what can wait in eight brackets. */
+        private static final int CODE = 2048;
+        private static final int WAITING = 64;
 
         /** The signs of a rule's code: what is asked of the net (with THEN, and two numbers behind), and the joints. */
         private static final int CLOSED = 0;
@@ -3145,6 +3199,8 @@ public final class GridHouse {
         private static final int NOT = 16;
         private static final int AND = 17;
         private static final int OR = 18;
+        /** On the stack of joints only; the numbers of these four are in the order in which they bind. */
+        private static final int BRACKET = 19;
         /** In the place of an object's number: it, from, to. */
         private static final int IT = -2;
         private static final int FROM = -3;
@@ -3162,6 +3218,8 @@ public final class GridHouse {
         private int[] code = new int[CODE];
         private int[] draft = new int[CODE];
         private int drafted;
+        private final int[] waiting = new int[WAITING];
+        private int waitCount;
         int count;
         private int[] steps = new int[STEPS];
         private int[] draftSteps = new int[STEPS];
@@ -3175,6 +3233,7 @@ public final class GridHouse {
         private final int[] tried = new int[TRIED];
         private int triedCount;
         private final int[] path = new int[STAGES];
+        private final int[] choice = new int[STAGES];
         private final int[] oversBySet = new int[1 << TRIED];
         private int leastLost;
         final int[] found = new int[STAGES];
@@ -3246,7 +3305,7 @@ public final class GridHouse {
             int start = drafted;
             put(act);
             put(0);
-            if (!readAny(tape, net, act, 0) || !tape.isSign(';')) {
+            if (!readCondition(tape, net, act) || !tape.isSign(';')) {
                 return false;
             }
             draft[start + 1] = drafted;
@@ -3260,69 +3319,80 @@ public final class GridHouse {
             }
         }
 
-        private boolean readAny(Tape tape, Net net, int act, int depth) {
-            if (!readAll(tape, net, act, depth)) {
-                return false;
-            }
-            for (int i = 0; i < Tape.MOST && tape.key() == Tape.OR; i++) {
-                tape.next();
-                if (!readAll(tape, net, act, depth)) {
-                    return false;
+        /**
+         * Reads a condition; the joints that wait for what is behind them stand on a stack. The word behind the
+         * condition is to be the one that ends the rule.
+         */
+        private boolean readCondition(Tape tape, Net net, int act) {
+            waitCount = 0;
+            int depth = 0;
+            for (int turn = 0; turn < Tape.MOST; turn++) {
+                if (tape.key() == Tape.NOT) {
+                    push(NOT);
+                    tape.next();
                 }
-                put(OR);
+                if (tape.isSign('(') && depth < BRACKETS) {
+                    depth++;
+                    push(BRACKET);
+                    tape.next();
+                } else {
+                    int asked = readAsked(tape);
+                    if (asked == NONE || !(asked >= LOST ? readBound(tape) : readObjects(tape, net, act, asked))) {
+                        return false;
+                    }
+                    release(NOT);
+                    depth = closeBrackets(tape, depth);
+                    int joint = tape.key() == Tape.AND ? AND : tape.key() == Tape.OR ? OR : NONE;
+                    release(joint == AND ? AND : OR);
+                    if (joint == NONE) {
+                        return depth == 0;
+                    }
+                    push(joint);
+                    tape.next();
+                }
             }
-            return true;
+            return false;
         }
 
-        private boolean readAll(Tape tape, Net net, int act, int depth) {
-            if (!readOne(tape, net, act, depth)) {
-                return false;
-            }
-            for (int i = 0; i < Tape.MOST && tape.key() == Tape.AND; i++) {
+        private int closeBrackets(Tape tape, int depth) {
+            int left = depth;
+            for (int i = 0; i < depth && tape.isSign(')'); i++) {
+                left--;
+                release(OR);
+                waitCount = Math.max(0, waitCount - 1);
+                release(NOT);
                 tape.next();
-                if (!readOne(tape, net, act, depth)) {
-                    return false;
-                }
-                put(AND);
             }
-            return true;
+            return left;
         }
 
-        private boolean readOne(Tape tape, Net net, int act, int depth) {
-            boolean not = tape.key() == Tape.NOT;
-            if (not) {
-                tape.next();
+        private void push(int joint) {
+            if (waitCount < waiting.length) {
+                waiting[waitCount] = joint;
+                waitCount++;
             }
-            if (tape.isSign('(')) {
-                if (depth >= BRACKETS) {
-                    return false;
-                }
-                tape.next();
-                if (!readAny(tape, net, act, depth + 1) || !tape.isSign(')')) {
-                    return false;
-                }
-                tape.next();
-            } else if (!readAsked(tape, net, act)) {
-                return false;
-            }
-            if (not) {
-                put(NOT);
-            }
-            return true;
         }
 
-        private boolean readAsked(Tape tape, Net net, int act) {
+        /** Puts the joints that wait on the top, down to the last one that binds as this one does. */
+        private void release(int joint) {
+            while (waitCount > 0 && waiting[waitCount - 1] <= joint) {
+                waitCount--;
+                put(waiting[waitCount]);
+            }
+        }
+
+        /** Reads what is asked, perhaps with then ahead: its sign without THEN, or NONE. */
+        private int readAsked(Tape tape) {
             boolean then = tape.key() == Tape.THEN;
             if (then) {
                 tape.next();
             }
             int asked = askedOf(tape.key());
-            if (asked == NONE) {
-                return false;
+            if (asked != NONE) {
+                put(then ? asked + THEN : asked);
+                tape.next();
             }
-            put(then ? asked + THEN : asked);
-            tape.next();
-            return asked >= LOST ? readBound(tape) : readObjects(tape, net, act, asked);
+            return asked;
         }
 
         private static int askedOf(int key) {
@@ -3532,8 +3602,8 @@ public final class GridHouse {
 
         // bringing load back
 
-        /** Looks for the row with n closings at most: how many are closed. */
-        int bringBack(Net net, int n) {
+        /** Says which switches are to be tried, and what the empty row leaves lost. */
+        void setOut(Net net) {
             triedCount = 0;
             for (int s = 0; s < net.count[SWITCH] && triedCount < TRIED; s++) {
                 if (net.at(SWITCH, s, STATE) == 0 && !net.is(SWITCH, s, TAGGED)) {
@@ -3550,25 +3620,38 @@ public final class GridHouse {
             first.countOver();
             leastLost = first.lost;
             foundCount = 0;
-            tryAll(0, 0, Math.min(n, STAGES - 1));
+        }
+
+        /**
+         * Tries all rows with n closings at most in the order of their numbers: how many the best one closes. The
+         * choice tells, by places in the path, which of the switches tried it is.
+         */
+        int bringBack(int n) {
+            int most = Math.min(n, STAGES - 1);
+            int depth = 0;
+            int set = 0;
+            choice[0] = NONE;
+            for (int turn = 0; turn < TURNS && depth >= 0; turn++) {
+                choice[depth]++;
+                int i = choice[depth];
+                if (i >= triedCount) {
+                    depth--;
+                    set = depth < 0 ? 0 : set & ~(1 << choice[depth]);
+                } else if ((set >> i & 1) == 0 && isFree(depth, tried[i], set | 1 << i)) {
+                    path[depth] = tried[i];
+                    weigh(depth + 1, stages[depth + 1].lost);
+                    if (depth + 1 < most) {
+                        depth++;
+                        set |= 1 << i;
+                        choice[depth] = NONE;
+                    }
+                }
+            }
             return foundCount;
         }
 
-        /** Tries all rows that begin with the path so far; sets of closed switches alike have lines alike OVER. */
-        private void tryAll(int depth, int set, int most) {
-            if (depth >= most) {
-                return;
-            }
-            for (int i = 0; i < triedCount; i++) {
-                if ((set >> i & 1) == 0 && tryOne(depth, tried[i], set | 1 << i)) {
-                    path[depth] = tried[i];
-                    weigh(depth + 1, stages[depth + 1].lost);
-                    tryAll(depth + 1, set | 1 << i, most);
-                }
-            }
-        }
-
-        private boolean tryOne(int depth, int sw, int set) {
+        /** Whether a switch may be closed behind the path; sets of closed switches alike have lines alike OVER. */
+        private boolean isFree(int depth, int sw, int set) {
             Flow before = stages[depth];
             Flow behind = stages[depth + 1];
             behind.stageNet().copy(before.stageNet());

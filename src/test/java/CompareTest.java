@@ -1,18 +1,12 @@
-import java.math.BigInteger;
 import java.util.Random;
 
 /** The same calls, by seeded rows of numbers, on GridHouse and on the Reference; all answers are to be alike. */
 public final class CompareTest {
-    private interface Call {
-        long go();
-    }
-
     private final Random random;
-    private final GridHouse house = new GridHouse();
-    private final Reference reference = new Reference();
+    private final Pair pair = new Pair();
+    private final GridHouse house = pair.house;
+    private final Reference reference = pair.reference;
     private final Texts texts;
-    private final StringBuilder log = new StringBuilder();
-    private boolean same = true;
 
     private CompareTest(long seed) {
         random = new Random(seed);
@@ -21,14 +15,14 @@ public final class CompareTest {
 
     public static void main(String[] args) {
         long first = args.length > 0 ? Long.parseLong(args[0]) : 1;
-        int runs = args.length > 1 ? Integer.parseInt(args[1]) : 400;
+        int runs = args.length > 1 ? Integer.parseInt(args[1]) : 250;
         int size = args.length > 2 ? Integer.parseInt(args[2]) : -1;
         int wrong = 0;
         for (int i = 0; i < runs && wrong < 3; i++) {
             CompareTest t = new CompareTest(first + i);
             if (!t.run(size >= 0 ? size : i % 20 == 19 ? 2 : i % 4 == 3 ? 1 : 0)) {
                 wrong++;
-                System.out.println("seed " + (first + i) + ":\n" + t.log);
+                System.out.println("seed " + (first + i) + ":\n" + t.pair.log);
             }
         }
         System.out.println(wrong == 0 ? runs + " rows of calls are alike" : "rows of calls are not alike");
@@ -37,53 +31,12 @@ public final class CompareTest {
         }
     }
 
-    private static long guarded(Call c) {
-        try {
-            return c.go();
-        } catch (IndexOutOfBoundsException e) {
-            return Long.MIN_VALUE + (e.getClass() == IndexOutOfBoundsException.class ? 1 : 9);
-        } catch (IllegalArgumentException e) {
-            return Long.MIN_VALUE + 2;
-        } catch (IllegalStateException e) {
-            return Long.MIN_VALUE + 3;
-        } catch (RuntimeException e) {
-            return Long.MIN_VALUE + 8;
-        }
-    }
-
-    private void both(String what, Call mine, Call theirs) {
-        long a = guarded(mine);
-        long b = guarded(theirs);
-        log.append(what).append(" -> ").append(told(a)).append('\n');
-        if (a != b) {
-            same = false;
-            log.append("   the reference: ").append(told(b)).append('\n');
-        }
-    }
-
-    private static String told(long v) {
-        return v >= Long.MIN_VALUE + 10 ? "" + v : "throws " + (v - Long.MIN_VALUE);
-    }
-
     private void compareHand() {
-        BigInteger[] parts = new BigInteger[2];
-        for (int part = 0; part < 2; part++) {
-            StringBuilder t = new StringBuilder();
-            for (int i = house.figures(part) - 1; i >= 0; i--) {
-                t.append(house.figure(part, i));
-            }
-            parts[part] = new BigInteger(t.toString());
-        }
-        Fraction f = reference.inHand();
-        log.append("   in hand ").append(parts[0]).append('/').append(parts[1]).append('\n');
-        if (!parts[0].equals(f.above.abs()) || !parts[1].equals(f.below)) {
-            same = false;
-            log.append("   the reference: ").append(f).append('\n');
-        }
+        pair.hands();
         int part = upTo(3) - 1;
         int i = upTo(30) - 2;
-        both("figure " + part + " " + i, () -> house.figure(part, i), () -> reference.figure(part, i));
-        both("figures " + part, () -> house.figures(part), () -> reference.figures(part));
+        pair.both("figure " + part + " " + i, () -> house.figure(part, i), () -> reference.figure(part, i));
+        pair.both("figures " + part, () -> house.figures(part), () -> reference.figures(part));
     }
 
     private int upTo(int n) {
@@ -96,38 +49,17 @@ public final class CompareTest {
     }
 
     private void feed(String text) {
-        log.append("text ").append(text.replace("\n", "\\n")).append('\n');
-        int at = 0;
-        while (at < text.length()) {
-            int[] v = new int[5];
-            for (int i = 0; i < 20; i++) {
-                int b = at + i < text.length() ? text.charAt(at + i) & 255 : 32;
-                v[i / 4] = v[i / 4] << 8 | b;
-            }
-            at += 20;
-            both("feed", () -> house.feed(v[0], v[1], v[2], v[3], v[4]),
-                    () -> reference.feed(v[0], v[1], v[2], v[3], v[4]));
-        }
-        int length = house.count(9) - (at - text.length());
-        if (random.nextInt(8) != 0) {
-            both("end", () -> {
-                house.end(length);
-                return 0;
-            }, () -> {
-                reference.end(length);
-                return 0;
-            });
-        }
+        pair.feed(text, random.nextInt(8) != 0);
     }
 
     private boolean run(int size) {
         feed(texts.net(size));
-        both("net", () -> house.net(), () -> reference.net());
+        pair.both("net", () -> house.net(), () -> reference.net());
         int calls = size == 2 ? 60 : 150;
-        for (int i = 0; i < calls && same; i++) {
+        for (int i = 0; i < calls && pair.same; i++) {
             call(size);
         }
-        return same;
+        return pair.same;
     }
 
     private void call(int size) {
@@ -170,7 +102,7 @@ public final class CompareTest {
 
     private void counts() {
         int sort = upTo(17) - 1;
-        both("count " + sort, () -> house.count(sort), () -> reference.count(sort));
+        pair.both("count " + sort, () -> house.count(sort), () -> reference.count(sort));
     }
 
     private void texts() {
@@ -179,18 +111,18 @@ public final class CompareTest {
         if (which == 0 && upTo(3) == 0) {
             String t = texts.net(upTo(1));
             feed(spoil ? texts.spoiled(t) : t);
-            both("net", () -> house.net(), () -> reference.net());
+            pair.both("net", () -> house.net(), () -> reference.net());
         } else if (which == 1) {
             feed(texts.pick("b0", "b1", "s0", "s11", "l0", "m0", "p0", "x", "", "b0 ", " b0", "bar", "abcdefghi"));
-            both("find", () -> house.find(), () -> reference.find());
+            pair.both("find", () -> house.find(), () -> reference.find());
         } else if (which < 6) {
             String t = texts.rules();
             feed(spoil ? texts.spoiled(t) : t);
-            both("rules", () -> house.rules(), () -> reference.rules());
+            pair.both("rules", () -> house.rules(), () -> reference.rules());
         } else {
             String t = texts.order();
             feed(spoil ? texts.spoiled(t) : t);
-            both("order", () -> house.order(), () -> reference.order());
+            pair.both("order", () -> house.order(), () -> reference.order());
         }
     }
 
@@ -201,17 +133,17 @@ public final class CompareTest {
         int field = upTo(12) - 1;
         switch (upTo(8)) {
             case 0:
-                both("get " + sort + " " + i + " " + field, () -> house.get(sort, i, field),
+                pair.both("get " + sort + " " + i + " " + field, () -> house.get(sort, i, field),
                         () -> reference.get(sort, i, field));
                 break;
             case 1:
-                both("name " + sort + " " + i + " " + field, () -> house.name(sort, i, field),
+                pair.both("name " + sort + " " + i + " " + field, () -> house.name(sort, i, field),
                         () -> reference.name(sort, i, field));
                 break;
             case 2:
             case 3:
                 int k = upTo(4) - 1;
-                both("keep " + k, () -> {
+                pair.both("keep " + k, () -> {
                     house.keep(k);
                     return 0;
                 }, () -> {
@@ -221,7 +153,7 @@ public final class CompareTest {
                 break;
             case 4:
                 int b = upTo(4) - 1;
-                both("back " + b, () -> {
+                pair.both("back " + b, () -> {
                     house.back(b);
                     return 0;
                 }, () -> {
@@ -234,7 +166,7 @@ public final class CompareTest {
                 int j = some(house.count(s < 0 || s > 4 ? 0 : s));
                 int f = upTo(2) == 0 ? field : 0;
                 int v = upTo(3) == 0 ? upTo(10500) - 100 : upTo(6) == 0 ? upTo(150) : upTo(2);
-                both("set " + s + " " + j + " " + f + " " + v, () -> house.set(s, j, f, v),
+                pair.both("set " + s + " " + j + " " + f + " " + v, () -> house.set(s, j, f, v),
                         () -> reference.set(s, j, f, v));
                 break;
         }
@@ -247,26 +179,26 @@ public final class CompareTest {
         int what = upTo(6) - 1;
         switch (upTo(5)) {
             case 0:
-                both("bar " + bar + " " + what, () -> house.bar(bar, what), () -> reference.bar(bar, what));
+                pair.both("bar " + bar + " " + what, () -> house.bar(bar, what), () -> reference.bar(bar, what));
                 break;
             case 1:
-                both("angle " + bar, () -> house.angle(bar), () -> reference.angle(bar));
+                pair.both("angle " + bar, () -> house.angle(bar), () -> reference.angle(bar));
                 compareHand();
                 break;
             case 2:
-                both("carries " + line, () -> house.carries(line), () -> reference.carries(line));
+                pair.both("carries " + line, () -> house.carries(line), () -> reference.carries(line));
                 compareHand();
                 break;
             case 3:
-                both("gives " + machine, () -> house.gives(machine), () -> reference.gives(machine));
+                pair.both("gives " + machine, () -> house.gives(machine), () -> reference.gives(machine));
                 compareHand();
                 break;
             case 4:
-                both("screen", () -> house.screen(), () -> reference.screen());
+                pair.both("screen", () -> house.screen(), () -> reference.screen());
                 break;
             default:
                 int k = upTo(4) - 1;
-                both("trouble " + k + " " + what, () -> house.trouble(k, what), () -> reference.trouble(k, what));
+                pair.both("trouble " + k + " " + what, () -> house.trouble(k, what), () -> reference.trouble(k, what));
                 break;
         }
     }
@@ -277,7 +209,7 @@ public final class CompareTest {
             int at = some(house.count(kind == 0 ? 2 : 0));
             int v = random.nextInt(30) == 0 ? 99998 + upTo(3) : upTo(400) - 200;
             int w = random.nextInt(30) == 0 ? upTo(1) * 100 : 1 + upTo(upTo(1) == 0 ? 3 : 98);
-            both("meter " + kind + " " + at + " " + v + " " + w, () -> house.meter(kind, at, v, w),
+            pair.both("meter " + kind + " " + at + " " + v + " " + w, () -> house.meter(kind, at, v, w),
                     () -> reference.meter(kind, at, v, w));
         }
         for (int i = 0; i < 5; i++) {
@@ -287,22 +219,22 @@ public final class CompareTest {
             switch (upTo(4)) {
                 case 0:
                     boolean is = upTo(2) == 0;
-                    both("strike " + meter + " " + is, () -> house.strike(meter, is) ? 1 : 0,
+                    pair.both("strike " + meter + " " + is, () -> house.strike(meter, is) ? 1 : 0,
                             () -> reference.strike(meter, is) ? 1 : 0);
                     break;
                 case 1:
-                    both("seen " + bar, () -> house.seen(bar), () -> reference.seen(bar));
+                    pair.both("seen " + bar, () -> house.seen(bar), () -> reference.seen(bar));
                     break;
                 case 2:
-                    both("estimate " + bar, () -> house.estimate(bar), () -> reference.estimate(bar));
+                    pair.both("estimate " + bar, () -> house.estimate(bar), () -> reference.estimate(bar));
                     compareHand();
                     break;
                 case 3:
-                    both("rest " + meter + " " + what, () -> house.rest(meter, what), () -> reference.rest(meter, what));
+                    pair.both("rest " + meter + " " + what, () -> house.rest(meter, what), () -> reference.rest(meter, what));
                     compareHand();
                     break;
                 default:
-                    both("worst", () -> house.worst(), () -> reference.worst());
+                    pair.both("worst", () -> house.worst(), () -> reference.worst());
                     break;
             }
         }
@@ -315,7 +247,7 @@ public final class CompareTest {
         int bar = some(house.count(0));
         int line = some(house.count(2));
         if (upTo(1) == 0) {
-            both("shortAt " + kind + " " + bar + " " + z, () -> {
+            pair.both("shortAt " + kind + " " + bar + " " + z, () -> {
                 house.shortAt(kind, bar, z);
                 return 0;
             }, () -> {
@@ -323,7 +255,7 @@ public final class CompareTest {
                 return 0;
             });
         } else {
-            both("shortOn " + kind + " " + line + " " + k + " " + z, () -> {
+            pair.both("shortOn " + kind + " " + line + " " + k + " " + z, () -> {
                 house.shortOn(kind, line, k, z);
                 return 0;
             }, () -> {
@@ -335,7 +267,7 @@ public final class CompareTest {
 
     private void shorts() {
         if (upTo(9) == 0) {
-            both("clearShort", () -> house.clearShort() ? 1 : 0, () -> reference.clearShort() ? 1 : 0);
+            pair.both("clearShort", () -> house.clearShort() ? 1 : 0, () -> reference.clearShort() ? 1 : 0);
         } else {
             putShort();
         }
@@ -346,13 +278,13 @@ public final class CompareTest {
             int end = upTo(19) == 0 ? upTo(3) - 1 : upTo(1);
             switch (upTo(2)) {
                 case 0:
-                    both("into " + s, () -> house.into(s), () -> reference.into(s));
+                    pair.both("into " + s, () -> house.into(s), () -> reference.into(s));
                     break;
                 case 1:
-                    both("voltage " + bar + " " + s, () -> house.voltage(bar, s), () -> reference.voltage(bar, s));
+                    pair.both("voltage " + bar + " " + s, () -> house.voltage(bar, s), () -> reference.voltage(bar, s));
                     break;
                 default:
-                    both("current " + line + " " + end + " " + s, () -> house.current(line, end, s),
+                    pair.both("current " + line + " " + end + " " + s, () -> house.current(line, end, s),
                             () -> reference.current(line, end, s));
                     break;
             }
@@ -366,29 +298,29 @@ public final class CompareTest {
             int sw = some(house.count(1));
             int end = upTo(19) == 0 ? upTo(3) - 1 : upTo(1);
             int kind = upTo(19) == 0 ? upTo(3) - 1 : upTo(1);
-            both("relay " + line + " " + end + " " + sw + " " + kind, () -> house.relay(line, end, sw, kind),
+            pair.both("relay " + line + " " + end + " " + sw + " " + kind, () -> house.relay(line, end, sw, kind),
                     () -> reference.relay(line, end, sw, kind));
         }
         for (int i = upTo(2); i >= 0; i--) {
             int relay = some(house.count(6));
             int setting = upTo(29) == 0 ? upTo(1) * 100000 : upTo(1) == 0 ? upTo(60) : upTo(800);
             int delay = upTo(29) == 0 ? -1 + 10000001 * upTo(1) : upTo(2) * upTo(80);
-            both("row " + relay + " " + setting + " " + delay, () -> house.row(relay, setting, delay),
+            pair.both("row " + relay + " " + setting + " " + delay, () -> house.row(relay, setting, delay),
                     () -> reference.row(relay, setting, delay));
         }
         if (upTo(3) == 0) {
             int sw = some(house.count(1));
             boolean is = upTo(2) != 0;
-            both("fails " + sw + " " + is, () -> house.fails(sw, is) ? 1 : 0, () -> reference.fails(sw, is) ? 1 : 0);
+            pair.both("fails " + sw + " " + is, () -> house.fails(sw, is) ? 1 : 0, () -> reference.fails(sw, is) ? 1 : 0);
         }
         if (upTo(3) == 0) {
             int us = upTo(9) == 0 ? -1 + 10000001 * upTo(1) : upTo(100);
-            both("backup " + us, () -> house.backup(us), () -> reference.backup(us));
+            pair.both("backup " + us, () -> house.backup(us), () -> reference.backup(us));
         }
         for (int i = 0; i < 3; i++) {
             int relay = some(house.count(6));
             int row = upTo(3);
-            both("met " + relay + " " + row, () -> house.met(relay, row) ? 1 : 0,
+            pair.both("met " + relay + " " + row, () -> house.met(relay, row) ? 1 : 0,
                     () -> reference.met(relay, row) ? 1 : 0);
         }
     }
@@ -397,39 +329,39 @@ public final class CompareTest {
         if (upTo(1) == 0) {
             putShort();
         }
-        both("begin", () -> house.begin(), () -> reference.begin());
+        pair.both("begin", () -> house.begin(), () -> reference.begin());
         int time = 0;
         for (int i = upTo(5); i >= 0; i--) {
             time += upTo(19) == 0 ? -5 : upTo(5) == 0 ? 0 : upTo(100);
             int t = time;
-            both("run " + t, () -> house.run(t), () -> reference.run(t));
+            pair.both("run " + t, () -> house.run(t), () -> reference.run(t));
             int k = upTo(5) - 1;
             int what = upTo(19) == 0 ? upTo(3) - 1 : upTo(1);
-            both("opened " + k + " " + what, () -> house.opened(k, what), () -> reference.opened(k, what));
+            pair.both("opened " + k + " " + what, () -> house.opened(k, what), () -> reference.opened(k, what));
             int sw = some(house.count(1));
-            both("ordered " + sw, () -> house.ordered(sw) ? 1 : 0, () -> reference.ordered(sw) ? 1 : 0);
+            pair.both("ordered " + sw, () -> house.ordered(sw) ? 1 : 0, () -> reference.ordered(sw) ? 1 : 0);
         }
         if (upTo(2) == 0) {
-            both("run on", () -> house.run(Integer.MAX_VALUE), () -> reference.run(Integer.MAX_VALUE));
+            pair.both("run on", () -> house.run(Integer.MAX_VALUE), () -> reference.run(Integer.MAX_VALUE));
             for (int k = 0; k < 4; k++) {
                 int j = k;
-                both("opened " + j, () -> house.opened(j, 0), () -> reference.opened(j, 0));
-                both("opened when " + j, () -> house.opened(j, 1), () -> reference.opened(j, 1));
+                pair.both("opened " + j, () -> house.opened(j, 0), () -> reference.opened(j, 0));
+                pair.both("opened when " + j, () -> house.opened(j, 1), () -> reference.opened(j, 1));
             }
         }
     }
 
     private void dispatches() {
-        both("dispatch", () -> house.dispatch(), () -> reference.dispatch());
-        both("cost", () -> house.cost(), () -> reference.cost());
+        pair.both("dispatch", () -> house.dispatch(), () -> reference.dispatch());
+        pair.both("cost", () -> house.cost(), () -> reference.cost());
         compareHand();
         for (int i = 0; i < 2; i++) {
             int machine = some(house.count(3));
-            both("sets " + machine, () -> house.sets(machine), () -> reference.sets(machine));
+            pair.both("sets " + machine, () -> house.sets(machine), () -> reference.sets(machine));
             compareHand();
         }
         int bar = some(house.count(0));
-        both("price " + bar, () -> house.price(bar), () -> reference.price(bar));
+        pair.both("price " + bar, () -> house.price(bar), () -> reference.price(bar));
         compareHand();
     }
 
@@ -437,16 +369,16 @@ public final class CompareTest {
         int what = upTo(9) == 0 ? upTo(3) - 1 : upTo(1);
         switch (upTo(3)) {
             case 0:
-                both("barred " + what, () -> house.barred(what), () -> reference.barred(what));
+                pair.both("barred " + what, () -> house.barred(what), () -> reference.barred(what));
                 break;
             case 1:
-                both("carry", () -> house.carry(), () -> reference.carry());
+                pair.both("carry", () -> house.carry(), () -> reference.carry());
                 break;
             default:
                 int n = upTo(9) == 0 ? upTo(5) - 1 : 1 + upTo(2);
-                both("restore " + n, () -> house.restore(n), () -> reference.restore(n));
+                pair.both("restore " + n, () -> house.restore(n), () -> reference.restore(n));
                 int k = upTo(4) - 1;
-                both("step " + k, () -> house.step(k), () -> reference.step(k));
+                pair.both("step " + k, () -> house.step(k), () -> reference.step(k));
                 break;
         }
     }

@@ -829,8 +829,10 @@ final class Reference {
     int worst() {
         int worst = -1;
         Fraction most = null;
+        TreeMap<Integer, Boolean> whole = new TreeMap<>();
         for (int m = 0; m < meters.size(); m++) {
-            if (meters.get(m).struck || !isWhole(islandOf(meters.get(m)))) {
+            int island = islandOf(meters.get(m));
+            if (meters.get(m).struck || !whole.computeIfAbsent(island, this::isWhole)) {
                 continue;
             }
             Fraction spread = spread(m);
