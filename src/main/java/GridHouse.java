@@ -1181,10 +1181,6 @@ public final class GridHouse {
             shape = new Shape(net);
         }
 
-        Net stageNet() {
-            return net;
-        }
-
         void look() {
             shape.look(false);
             solved = false;
@@ -2258,7 +2254,7 @@ public final class GridHouse {
         private final Big[] part = Big.many(3, 96);
         private final Big below = new Big(96);
         /** The numbers 0, 1, 2 asked for last, times below and reach. */
-        private final Big[] part3 = Big.many(3, 96);
+        private final Big[] asked = Big.many(3, 96);
         private final int[] reach = new int[3];
         private final Big[] square = Big.many(2, 96);
         private final Big[] help = Big.many(4, 96);
@@ -2441,21 +2437,21 @@ public final class GridHouse {
             boolean near = active && shape.island[node] == island;
             for (int s = 0; s < 3; s++) {
                 reach[s] = 1;
-                part3[s].put(0);
+                asked[s].put(0);
                 if (near) {
-                    part3[s].product(part[s], s == 0 ? top0[node] : top1[node]);
-                    part3[s].negate();
+                    asked[s].product(part[s], s == 0 ? top0[node] : top1[node]);
+                    asked[s].negate();
                 }
             }
             if (shape.live[shape.island[node]]) {
-                part3[1].more(below);
+                asked[1].more(below);
             }
             scaleAll(E);
         }
 
         private void scaleAll(int f) {
             for (int s = 0; s < 3; s++) {
-                part3[s].scale(f);
+                asked[s].scale(f);
             }
         }
 
@@ -2468,11 +2464,11 @@ public final class GridHouse {
             for (int s = 0; s < 3; s++) {
                 Big[] tops = s == 0 ? top0 : top1;
                 reach[s] = net.at(LINE, line, s == 0 ? LINE_Z : LINE_X) * (at ? sixteenths(end) : 1);
-                part3[s].put(0);
+                asked[s].put(0);
                 if (flows) {
                     help[0].copy(tops[far]);
                     help[0].less(tops[near]);
-                    part3[s].product(part[s], help[0]);
+                    asked[s].product(part[s], help[0]);
                 }
             }
             scaleAll(at ? 16 * E : E);
@@ -2481,7 +2477,7 @@ public final class GridHouse {
         /** Number 0, 1 or 2 asked for, or the square of phase a (3) or b (4). */
         void tell(int s, Hand hand) {
             if (s < PHASE_A) {
-                hand.above.copy(part3[s]);
+                hand.above.copy(asked[s]);
                 hand.below.copy(below);
                 hand.below.scale(reach[s]);
             } else {
@@ -2496,13 +2492,13 @@ public final class GridHouse {
             Big sum = help[0];
             Big zero = help[1];
             Big gap = help[2];
-            sum.copy(part3[1]);
-            sum.more(part3[2]);
+            sum.copy(asked[1]);
+            sum.more(asked[2]);
             sum.scale(reach[0]);
-            gap.copy(part3[1]);
-            gap.less(part3[2]);
+            gap.copy(asked[1]);
+            gap.less(asked[2]);
             gap.scale(reach[0]);
-            zero.copy(part3[0]);
+            zero.copy(asked[0]);
             zero.scale(2L * reach[1]);
             help[3].copy(sum);
             help[3].scale(2);
@@ -2533,7 +2529,7 @@ public final class GridHouse {
                 belowSquares(second);
                 return true;
             }
-            boolean may = part3[1].sign() > 0 && square[phase].sign() > 0;
+            boolean may = asked[1].sign() > 0 && square[phase].sign() > 0;
             long far = (long) reach[0] * reach[1];
             second.copy(square[phase]);
             volts(shape.ends[line][end]);
@@ -3232,7 +3228,6 @@ public final class GridHouse {
 
         private final int[] tried = new int[TRIED];
         private int triedCount;
-        private final int[] path = new int[STAGES];
         private final int[] choice = new int[STAGES];
         private final int[] oversBySet = new int[1 << TRIED];
         private int leastLost;
@@ -3497,7 +3492,7 @@ public final class GridHouse {
         Net follow(Net net) {
             Flow before = stages[0];
             Flow behind = stages[1];
-            before.stageNet().copy(net);
+            before.shape.net.copy(net);
             before.look();
             before.countOver();
             stopped = NONE;
@@ -3505,12 +3500,12 @@ public final class GridHouse {
             for (done = 0; done < stepCount; done++) {
                 int act = steps[done] / 100;
                 int object = steps[done] % 100;
-                behind.stageNet().copy(before.stageNet());
-                if (behind.stageNet().at(ACT_SORT[act], object, ACT_FIELD[act]) == ACT_VALUE[act]) {
+                behind.shape.net.copy(before.shape.net);
+                if (behind.shape.net.at(ACT_SORT[act], object, ACT_FIELD[act]) == ACT_VALUE[act]) {
                     stopped = done;
                     break;
                 }
-                behind.stageNet().put(ACT_SORT[act], object, ACT_FIELD[act], ACT_VALUE[act]);
+                behind.shape.net.put(ACT_SORT[act], object, ACT_FIELD[act], ACT_VALUE[act]);
                 behind.look();
                 behind.countOver();
                 stoppedBy = firstAgainst(act, object, before, behind);
@@ -3522,7 +3517,7 @@ public final class GridHouse {
                 before = behind;
                 behind = free;
             }
-            return before.stageNet();
+            return before.shape.net;
         }
 
         /** The first rule that bars an act, or NONE. */
@@ -3615,7 +3610,7 @@ public final class GridHouse {
                 oversBySet[set] = NONE;
             }
             Flow first = stages[0];
-            first.stageNet().copy(net);
+            first.shape.net.copy(net);
             first.look();
             first.countOver();
             leastLost = first.lost;
@@ -3638,7 +3633,6 @@ public final class GridHouse {
                     depth--;
                     set = depth < 0 ? 0 : set & ~(1 << choice[depth]);
                 } else if ((set >> i & 1) == 0 && isFree(depth, tried[i], set | 1 << i)) {
-                    path[depth] = tried[i];
                     weigh(depth + 1, stages[depth + 1].lost);
                     if (depth + 1 < most) {
                         depth++;
@@ -3654,8 +3648,8 @@ public final class GridHouse {
         private boolean isFree(int depth, int sw, int set) {
             Flow before = stages[depth];
             Flow behind = stages[depth + 1];
-            behind.stageNet().copy(before.stageNet());
-            behind.stageNet().put(SWITCH, sw, STATE, 1);
+            behind.shape.net.copy(before.shape.net);
+            behind.shape.net.put(SWITCH, sw, STATE, 1);
             behind.look();
             behind.overs = oversBySet[set];
             behind.countOver();
@@ -3667,7 +3661,9 @@ public final class GridHouse {
             if (lost < leastLost || lost == leastLost && length < foundCount) {
                 leastLost = lost;
                 foundCount = length;
-                System.arraycopy(path, 0, found, 0, length);
+                for (int k = 0; k < length; k++) {
+                    found[k] = tried[choice[k]];
+                }
             }
         }
     }

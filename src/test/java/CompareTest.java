@@ -13,9 +13,10 @@ public final class CompareTest {
         texts = new Texts(random);
     }
 
+    /** The first seed, how many, the size of the nets (0 to 2; mixed without it). */
     public static void main(String[] args) {
         long first = args.length > 0 ? Long.parseLong(args[0]) : 1;
-        int runs = args.length > 1 ? Integer.parseInt(args[1]) : 250;
+        int runs = args.length > 1 ? Integer.parseInt(args[1]) : 200;
         int size = args.length > 2 ? Integer.parseInt(args[2]) : -1;
         int wrong = 0;
         for (int i = 0; i < runs && wrong < 3; i++) {
@@ -31,38 +32,45 @@ public final class CompareTest {
         }
     }
 
-    private void compareHand() {
-        pair.hands();
-        int part = upTo(3) - 1;
+    private int upTo(int n) {
+        return random.nextInt(n + 1);
+    }
+
+    private boolean one(int of) {
+        return random.nextInt(of) == 0;
+    }
+
+    /** Mostly an object's number, now and then none. */
+    private int some(int count) {
+        return one(25) ? upTo(40) - 2 : count == 0 ? 0 : random.nextInt(count);
+    }
+
+    /** Mostly within what is told, now and then beside it. */
+    private int within(int least, int most) {
+        return one(20) ? (one(2) ? least - 1 : most + 1) : least + upTo(most - least);
+    }
+
+    private boolean run(int size) {
+        pair.net(texts.net(size));
+        int calls = size == 2 ? 60 : 150;
+        for (int i = 0; i < calls && pair.same; i++) {
+            call();
+            if (one(3)) {
+                pair.count(upTo(17) - 1);
+                figures();
+            }
+        }
+        return pair.same;
+    }
+
+    private void figures() {
+        int part = within(0, 1);
         int i = upTo(30) - 2;
         pair.both("figure " + part + " " + i, () -> house.figure(part, i), () -> reference.figure(part, i));
         pair.both("figures " + part, () -> house.figures(part), () -> reference.figures(part));
     }
 
-    private int upTo(int n) {
-        return random.nextInt(n + 1);
-    }
-
-    /** Mostly an object's number, now and then none. */
-    private int some(int count) {
-        return random.nextInt(25) == 0 ? upTo(40) - 2 : count == 0 ? 0 : random.nextInt(count);
-    }
-
-    private void feed(String text) {
-        pair.feed(text, random.nextInt(8) != 0);
-    }
-
-    private boolean run(int size) {
-        feed(texts.net(size));
-        pair.both("net", () -> house.net(), () -> reference.net());
-        int calls = size == 2 ? 60 : 150;
-        for (int i = 0; i < calls && pair.same; i++) {
-            call(size);
-        }
-        return pair.same;
-    }
-
-    private void call(int size) {
+    private void call() {
         switch (upTo(11)) {
             case 0:
                 texts();
@@ -95,20 +103,16 @@ public final class CompareTest {
                 orders();
                 break;
         }
-        if (upTo(2) == 0) {
-            counts();
-        }
     }
 
-    private void counts() {
-        int sort = upTo(17) - 1;
-        pair.both("count " + sort, () -> house.count(sort), () -> reference.count(sort));
+    private void feed(String text) {
+        pair.feed(text, !one(8));
     }
 
     private void texts() {
         int which = upTo(9);
-        boolean spoil = upTo(2) == 0;
-        if (which == 0 && upTo(3) == 0) {
+        boolean spoil = one(3);
+        if (which == 0 && one(4)) {
             String t = texts.net(upTo(1));
             feed(spoil ? texts.spoiled(t) : t);
             pair.both("net", () -> house.net(), () -> reference.net());
@@ -127,10 +131,10 @@ public final class CompareTest {
     }
 
     private void fields() {
-        int sort = random.nextInt(25) == 0 ? upTo(8) - 1 : upTo(4);
-        int n = sort >= 0 && sort < 5 ? house.count(sort) : 0;
-        int i = some(n);
+        int sort = one(25) ? upTo(8) - 1 : upTo(4);
+        int i = some(sort >= 0 && sort < 5 ? house.count(sort) : 0);
         int field = upTo(12) - 1;
+        int k = within(0, 2);
         switch (upTo(8)) {
             case 0:
                 pair.both("get " + sort + " " + i + " " + field, () -> house.get(sort, i, field),
@@ -141,244 +145,160 @@ public final class CompareTest {
                         () -> reference.name(sort, i, field));
                 break;
             case 2:
-            case 3:
-                int k = upTo(4) - 1;
-                pair.both("keep " + k, () -> {
-                    house.keep(k);
-                    return 0;
-                }, () -> {
-                    reference.keep(k);
-                    return 0;
-                });
+                pair.bothDo("keep " + k, () -> house.keep(k), () -> reference.keep(k));
                 break;
-            case 4:
-                int b = upTo(4) - 1;
-                pair.both("back " + b, () -> {
-                    house.back(b);
-                    return 0;
-                }, () -> {
-                    reference.back(b);
-                    return 0;
-                });
+            case 3:
+                pair.bothDo("back " + k, () -> house.back(k), () -> reference.back(k));
                 break;
             default:
-                int s = upTo(3) == 0 ? sort : 1 + upTo(3);
+                int s = one(4) ? sort : 1 + upTo(3);
                 int j = some(house.count(s < 0 || s > 4 ? 0 : s));
-                int f = upTo(2) == 0 ? field : 0;
-                int v = upTo(3) == 0 ? upTo(10500) - 100 : upTo(6) == 0 ? upTo(150) : upTo(2);
-                pair.both("set " + s + " " + j + " " + f + " " + v, () -> house.set(s, j, f, v),
-                        () -> reference.set(s, j, f, v));
+                int v = one(4) ? upTo(10500) - 100 : one(7) ? upTo(150) : upTo(2);
+                pair.set(s, j, one(3) ? field : 0, v);
                 break;
         }
     }
 
     private void flows() {
         int bar = some(house.count(0));
-        int line = some(house.count(2));
-        int machine = some(house.count(3));
         int what = upTo(6) - 1;
         switch (upTo(5)) {
             case 0:
                 pair.both("bar " + bar + " " + what, () -> house.bar(bar, what), () -> reference.bar(bar, what));
                 break;
             case 1:
-                pair.both("angle " + bar, () -> house.angle(bar), () -> reference.angle(bar));
-                compareHand();
+                pair.angle(bar);
                 break;
             case 2:
-                pair.both("carries " + line, () -> house.carries(line), () -> reference.carries(line));
-                compareHand();
+                pair.carries(some(house.count(2)));
                 break;
             case 3:
-                pair.both("gives " + machine, () -> house.gives(machine), () -> reference.gives(machine));
-                compareHand();
+                pair.gives(some(house.count(3)));
                 break;
             case 4:
-                pair.both("screen", () -> house.screen(), () -> reference.screen());
+                pair.screen();
                 break;
             default:
-                int k = upTo(4) - 1;
-                pair.both("trouble " + k + " " + what, () -> house.trouble(k, what), () -> reference.trouble(k, what));
+                pair.trouble(upTo(4) - 1, what);
                 break;
         }
     }
 
     private void estimates() {
         for (int i = upTo(6); i >= 0; i--) {
-            int kind = random.nextInt(30) == 0 ? upTo(4) - 1 : upTo(2);
-            int at = some(house.count(kind == 0 ? 2 : 0));
-            int v = random.nextInt(30) == 0 ? 99998 + upTo(3) : upTo(400) - 200;
-            int w = random.nextInt(30) == 0 ? upTo(1) * 100 : 1 + upTo(upTo(1) == 0 ? 3 : 98);
-            pair.both("meter " + kind + " " + at + " " + v + " " + w, () -> house.meter(kind, at, v, w),
-                    () -> reference.meter(kind, at, v, w));
+            int kind = within(0, 2);
+            int v = one(30) ? 99998 + upTo(3) : upTo(400) - 200;
+            pair.meter(kind, some(house.count(kind == 0 ? 2 : 0)), v, one(2) ? 1 + upTo(3) : within(1, 99));
         }
         for (int i = 0; i < 5; i++) {
-            int bar = some(house.count(0));
-            int meter = some(house.count(5));
-            int what = upTo(9) == 0 ? upTo(3) - 1 : upTo(1);
             switch (upTo(4)) {
                 case 0:
-                    boolean is = upTo(2) == 0;
-                    pair.both("strike " + meter + " " + is, () -> house.strike(meter, is) ? 1 : 0,
-                            () -> reference.strike(meter, is) ? 1 : 0);
+                    pair.strike(some(house.count(5)), one(3));
                     break;
                 case 1:
-                    pair.both("seen " + bar, () -> house.seen(bar), () -> reference.seen(bar));
+                    pair.seen(some(house.count(0)));
                     break;
                 case 2:
-                    pair.both("estimate " + bar, () -> house.estimate(bar), () -> reference.estimate(bar));
-                    compareHand();
+                    pair.estimate(some(house.count(0)));
                     break;
                 case 3:
-                    pair.both("rest " + meter + " " + what, () -> house.rest(meter, what), () -> reference.rest(meter, what));
-                    compareHand();
+                    pair.rest(some(house.count(5)), within(0, 1));
                     break;
                 default:
-                    pair.both("worst", () -> house.worst(), () -> reference.worst());
+                    pair.worst();
                     break;
             }
         }
     }
 
     private void putShort() {
-        int kind = random.nextInt(20) == 0 ? upTo(5) - 1 : upTo(3);
-        int z = random.nextInt(20) == 0 ? upTo(102) - 1 : upTo(1) * upTo(20);
-        int k = random.nextInt(20) == 0 ? upTo(17) : 1 + upTo(14);
-        int bar = some(house.count(0));
-        int line = some(house.count(2));
-        if (upTo(1) == 0) {
-            pair.both("shortAt " + kind + " " + bar + " " + z, () -> {
-                house.shortAt(kind, bar, z);
-                return 0;
-            }, () -> {
-                reference.shortAt(kind, bar, z);
-                return 0;
-            });
+        int z = one(2) ? 0 : one(9) ? within(0, 99) : upTo(20);
+        if (one(2)) {
+            pair.shortAt(within(0, 3), some(house.count(0)), z);
         } else {
-            pair.both("shortOn " + kind + " " + line + " " + k + " " + z, () -> {
-                house.shortOn(kind, line, k, z);
-                return 0;
-            }, () -> {
-                reference.shortOn(kind, line, k, z);
-                return 0;
-            });
+            pair.shortOn(within(0, 3), some(house.count(2)), within(1, 15), z);
         }
     }
 
     private void shorts() {
-        if (upTo(9) == 0) {
-            pair.both("clearShort", () -> house.clearShort() ? 1 : 0, () -> reference.clearShort() ? 1 : 0);
+        if (one(10)) {
+            pair.clearShort();
         } else {
             putShort();
         }
         for (int i = 0; i < 4; i++) {
-            int s = upTo(19) == 0 ? upTo(7) - 1 : upTo(4);
-            int bar = some(house.count(0));
-            int line = some(house.count(2));
-            int end = upTo(19) == 0 ? upTo(3) - 1 : upTo(1);
             switch (upTo(2)) {
                 case 0:
-                    pair.both("into " + s, () -> house.into(s), () -> reference.into(s));
+                    pair.into(within(0, 2));
                     break;
                 case 1:
-                    pair.both("voltage " + bar + " " + s, () -> house.voltage(bar, s), () -> reference.voltage(bar, s));
+                    pair.voltage(some(house.count(0)), within(0, 4));
                     break;
                 default:
-                    pair.both("current " + line + " " + end + " " + s, () -> house.current(line, end, s),
-                            () -> reference.current(line, end, s));
+                    pair.current(some(house.count(2)), within(0, 1), within(0, 4));
                     break;
             }
-            compareHand();
         }
     }
 
     private void relays() {
-        if (upTo(2) == 0 || house.count(6) == 0) {
-            int line = some(house.count(2));
-            int sw = some(house.count(1));
-            int end = upTo(19) == 0 ? upTo(3) - 1 : upTo(1);
-            int kind = upTo(19) == 0 ? upTo(3) - 1 : upTo(1);
-            pair.both("relay " + line + " " + end + " " + sw + " " + kind, () -> house.relay(line, end, sw, kind),
-                    () -> reference.relay(line, end, sw, kind));
+        if (one(3) || house.count(6) == 0) {
+            pair.relay(some(house.count(2)), within(0, 1), some(house.count(1)), within(0, 1));
         }
         for (int i = upTo(2); i >= 0; i--) {
-            int relay = some(house.count(6));
-            int setting = upTo(29) == 0 ? upTo(1) * 100000 : upTo(1) == 0 ? upTo(60) : upTo(800);
-            int delay = upTo(29) == 0 ? -1 + 10000001 * upTo(1) : upTo(2) * upTo(80);
-            pair.both("row " + relay + " " + setting + " " + delay, () -> house.row(relay, setting, delay),
-                    () -> reference.row(relay, setting, delay));
+            int setting = one(30) ? upTo(1) * 100000 : one(2) ? upTo(60) : upTo(800);
+            int delay = one(30) ? -1 + 10000001 * upTo(1) : upTo(2) * upTo(80);
+            pair.row(some(house.count(6)), setting, delay);
         }
-        if (upTo(3) == 0) {
-            int sw = some(house.count(1));
-            boolean is = upTo(2) != 0;
-            pair.both("fails " + sw + " " + is, () -> house.fails(sw, is) ? 1 : 0, () -> reference.fails(sw, is) ? 1 : 0);
-        }
-        if (upTo(3) == 0) {
-            int us = upTo(9) == 0 ? -1 + 10000001 * upTo(1) : upTo(100);
-            pair.both("backup " + us, () -> house.backup(us), () -> reference.backup(us));
+        if (one(4)) {
+            pair.fails(some(house.count(1)), !one(3));
+            pair.backup(one(10) ? -1 + 10000001 * upTo(1) : upTo(100));
         }
         for (int i = 0; i < 3; i++) {
-            int relay = some(house.count(6));
-            int row = upTo(3);
-            pair.both("met " + relay + " " + row, () -> house.met(relay, row) ? 1 : 0,
-                    () -> reference.met(relay, row) ? 1 : 0);
+            pair.met(some(house.count(6)), upTo(3));
         }
     }
 
     private void runs() {
-        if (upTo(1) == 0) {
+        if (one(2)) {
             putShort();
         }
-        pair.both("begin", () -> house.begin(), () -> reference.begin());
+        pair.begin();
         int time = 0;
         for (int i = upTo(5); i >= 0; i--) {
-            time += upTo(19) == 0 ? -5 : upTo(5) == 0 ? 0 : upTo(100);
-            int t = time;
-            pair.both("run " + t, () -> house.run(t), () -> reference.run(t));
-            int k = upTo(5) - 1;
-            int what = upTo(19) == 0 ? upTo(3) - 1 : upTo(1);
-            pair.both("opened " + k + " " + what, () -> house.opened(k, what), () -> reference.opened(k, what));
-            int sw = some(house.count(1));
-            pair.both("ordered " + sw, () -> house.ordered(sw) ? 1 : 0, () -> reference.ordered(sw) ? 1 : 0);
+            time += one(20) ? -5 : one(6) ? 0 : upTo(100);
+            pair.run(time);
+            pair.opened(upTo(5) - 1, within(0, 1));
+            pair.ordered(some(house.count(1)));
         }
-        if (upTo(2) == 0) {
-            pair.both("run on", () -> house.run(Integer.MAX_VALUE), () -> reference.run(Integer.MAX_VALUE));
+        if (one(3)) {
+            pair.run(Integer.MAX_VALUE);
             for (int k = 0; k < 4; k++) {
-                int j = k;
-                pair.both("opened " + j, () -> house.opened(j, 0), () -> reference.opened(j, 0));
-                pair.both("opened when " + j, () -> house.opened(j, 1), () -> reference.opened(j, 1));
+                pair.opened(k, 0);
+                pair.opened(k, 1);
             }
         }
     }
 
     private void dispatches() {
-        pair.both("dispatch", () -> house.dispatch(), () -> reference.dispatch());
-        pair.both("cost", () -> house.cost(), () -> reference.cost());
-        compareHand();
-        for (int i = 0; i < 2; i++) {
-            int machine = some(house.count(3));
-            pair.both("sets " + machine, () -> house.sets(machine), () -> reference.sets(machine));
-            compareHand();
-        }
-        int bar = some(house.count(0));
-        pair.both("price " + bar, () -> house.price(bar), () -> reference.price(bar));
-        compareHand();
+        pair.dispatch();
+        pair.cost();
+        pair.sets(some(house.count(3)));
+        pair.sets(some(house.count(3)));
+        pair.price(some(house.count(0)));
     }
 
     private void orders() {
-        int what = upTo(9) == 0 ? upTo(3) - 1 : upTo(1);
         switch (upTo(3)) {
             case 0:
-                pair.both("barred " + what, () -> house.barred(what), () -> reference.barred(what));
+                pair.barred(within(0, 1));
                 break;
             case 1:
-                pair.both("carry", () -> house.carry(), () -> reference.carry());
+                pair.carry();
                 break;
             default:
-                int n = upTo(9) == 0 ? upTo(5) - 1 : 1 + upTo(2);
-                pair.both("restore " + n, () -> house.restore(n), () -> reference.restore(n));
-                int k = upTo(4) - 1;
-                pair.both("step " + k, () -> house.step(k), () -> reference.step(k));
+                pair.restore(within(1, 3));
+                pair.step(upTo(4) - 1);
                 break;
         }
     }
