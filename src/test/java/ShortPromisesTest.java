@@ -21,6 +21,7 @@ public final class ShortPromisesTest {
         currents();
         relays();
         mets();
+        noFirst();
         runs();
         stopsAndGoes();
         fails();
@@ -279,6 +280,22 @@ public final class ShortPromisesTest {
         // a square of phase b alone above: I a is 0 with kind 3 here
         x.shortAt(3, 1, 0);
         Check.is("phase b", x.met(0, 0), true);
+    }
+
+    /** I1 is 0 and I0 is not, for the zero nets of the machines are not alike: kind 1 is not met. */
+    private static void noFirst() {
+        Check.promise(38);
+        GridHouse x = Check.house("bar a;bar b;bar c;switch s a b open 1;line l a b 1 1 1;line m a c 1 1 1;"
+                + "line n b c 1 1 1;machine g a 1 1 0 9 1 1 1 1;machine h b 1 5 0 9 1 1 1 1;");
+        x.shortAt(1, 2, 0);
+        Check.is("I1", x.current(0, 0, 1), 0);
+        Check.is("I0", x.current(0, 0, 0), 1);
+        x.relay(0, 0, 0, 1);
+        x.row(0, 99999, 0);
+        x.relay(0, 0, 0, 0);
+        x.row(1, 0, 0);
+        Check.is("I1 is not above 0", x.met(0, 0), false);
+        Check.is("kind 0", x.met(1, 0), true);
     }
 
     private static GridHouse guarded() {

@@ -228,6 +228,8 @@ public final class TextPromisesTest {
         x.set(1, 0, 0, 0);
         Check.is("a net of its own", Check.net(x, "bar z;"), 1);
         Check.is("count 15", x.count(15), 0);
+        Check.is("a text without words", Check.net(x, " "), 0);
+        Check.is("count 0", x.count(0), 0);
     }
 
     private static GridHouse forRules() {
@@ -273,6 +275,9 @@ public final class TextPromisesTest {
         rule("no earth if closed it;", -20);
         rule("no earth if tagged s and live it;", 1);
         rule("no earth if live from;", -18);
+        rule("no earth if live to;", -18);
+        rule("no open if tagged to;", -19);
+        rule("no untag if live to;", 1);
         rule("no open if live it;", -17);
         rule("no open if live s;", -17);
         rule("no open if live l;", -17);
@@ -385,6 +390,9 @@ public final class TextPromisesTest {
         Check.is("find", Check.find(x, "abcdefghi"), -1);
         Check.is("find", Check.find(x, ""), -1);
         Check.is("the tape", x.count(9), 0);
+        Check.net(x, "bar bcdefghi;");
+        Check.is("find", Check.find(x, "bcdefghi"), 0);
+        Check.is("find", Check.find(x, "abcdefghi"), -1);
     }
 
     private static void counts() {
