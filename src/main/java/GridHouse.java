@@ -2794,9 +2794,10 @@ public final class GridHouse {
         private final int[] machineOf = new int[PARTS];
         private final int[] costOf = new int[PARTS];
         private final int[] startOf = new int[PARTS];
+        /** By parts: whether it is turned at the start. */
+        private final boolean[] turned = new boolean[PARTS];
         /** By variables: parts, then lines. */
         private final int[] most = new int[PARTS + LINES];
-        private final boolean[] turned = new boolean[PARTS + LINES];
         /** By islands: the part whose row keeps the balance. */
         private final int[] keeper = new int[BARS];
         private int rows;
@@ -2961,7 +2962,6 @@ public final class GridHouse {
                 if (shape.isLineIn(l, shape.live)) {
                     rowVariable[rows] = PARTS + l;
                     most[PARTS + l] = 2 * net.at(LINE, l, LIMIT);
-                    turned[PARTS + l] = false;
                     rows++;
                 }
             }
@@ -3099,13 +3099,11 @@ public final class GridHouse {
         }
 
         private void turn(int row) {
-            int variable = rowVariable[row];
-            turned[variable] = !turned[variable];
             for (int c = 0; c < columns; c++) {
                 at(row, c).negate();
             }
             help[0].copy(common);
-            help[0].scale(most[variable]);
+            help[0].scale(most[rowVariable[row]]);
             at(row, 0).more(help[0]);
         }
 

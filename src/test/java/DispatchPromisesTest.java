@@ -151,7 +151,6 @@ public final class DispatchPromisesTest {
         x.set(4, 0, 0, 40);
         Check.makes("for nothing", x, x.price(1), 0, "0/1");
         Check.makes("cost", x, x.cost(), 0, "0/1");
-        // more at b makes room on m for more from the cheap end: the price is below 0
         GridHouse y = Check.house(RING);
         y.set(4, 0, 0, 40);
         y.set(3, 0, 6, 0);
@@ -159,7 +158,6 @@ public final class DispatchPromisesTest {
         y.set(2, 2, 3, 20);
         Check.makes("sets", y, y.sets(0), 1, "20/1");
         Check.makes("price", y, y.price(2), 1, "6/1");
-        y.set(2, 0, 1, 1);
         GridHouse z = Check.house("bar a;bar b;bar c;line k a b 1 1 9;line l b c 1 1 99;line m a c 1 1 99;"
                 + "machine g a 1 1 0 100 1 100 1 1;machine h c 1 1 0 100 4 100 4 1;load p c 60;");
         // k carries a third of what g gives

@@ -122,6 +122,9 @@ public final class TextPromisesTest {
         fault("bar a", 5);
         fault("bar a  bar b;", 7);
         fault("barr a;", 0);
+        fault("open a;", 0);
+        fault("is a;", 0);
+        fault("; bar a;", 0);
         fault("bar 1a;", 4);
         fault("bar A;", 4);
         fault("bar a\t;", 5);
@@ -283,6 +286,15 @@ public final class TextPromisesTest {
         rule("no open if live l;", -17);
         rule("no open if joined a;", -20);
         rule("no open if lost was 1;", -17);
+        rule("no open if lost;", -16);
+        rule("no open if lost and lost is 1;", -17);
+        rule("no open if lost is;", -19);
+        rule("no open if lost above or lost is 1;", -23);
+        rule("no open if closed;", -18);
+        rule("no open if joined a;", -20);
+        rule("no open if live and lost is 1;", -17);
+        rule("no open if not;", -15);
+        rule("no open if then;", -16);
         rule("no open if lost is x;", -20);
         rule("no open if lost is 0999999;", -20);
         rule("no open if lost is 999999;", 1);
