@@ -15,6 +15,11 @@ final class Check {
         about = "promise " + n;
     }
 
+    /** The sentence of the document that the answers behind it are due by. */
+    static void sentence(String words) {
+        about = words;
+    }
+
     static void is(String what, long got, long due) {
         made++;
         if (got != due) {
