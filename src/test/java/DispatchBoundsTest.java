@@ -1,0 +1,325 @@
+/** Each boundary that the document names for the dispatch and its prices: section 6, promises 43 to 46. */
+public final class DispatchBoundsTest {
+    private static final String ONE = "bar a;bar b;machine g a 1 1 30 90 2 50 4 0;load p a 40;load q b 5;";
+    private static final String PAIR = "bar a;bar b;line l a b 1 1 10;machine g a 1 1 0 100 2 50 4 1;"
+            + "machine h b 1 1 0 100 5 100 5 1;load p b 30;load q a 0;";
+    /** Of what g gives 1/2 goes over m, of what h gives 1/6. */
+    private static final String RING = "bar a;bar b;bar c;line k a b 2 1 99;line l b c 1 1 99;line m a c 3 1 17;"
+            + "machine g a 1 1 0 100 1 100 1 1;machine h b 1 1 0 100 3 100 3 1;load p c 45;";
+
+    private DispatchBoundsTest() {
+    }
+
+    public static void main(String[] args) {
+        fromLoToHi();
+        costs();
+        greatCosts();
+        limits();
+        islands();
+        ties();
+        prices();
+        fractionsOfPrices();
+        noPrices();
+        nothing();
+        manyMachines();
+        Check.close("DispatchBoundsTest");
+    }
+
+    private static void fromLoToHi() {
+        Check.sentence("A machine that is ON gives from LO to HI");
+        GridHouse x = Check.house(ONE);
+        int[][] due = {{0, 0}, {29, 0}, {30, 1}, {31, 1}, {89, 1}, {90, 1}, {91, 0}, {9999, 0}};
+        for (int[] d : due) {
+            x.set(4, 0, 0, d[0]);
+            Check.is("dispatch of " + d[0], x.dispatch(), d[1]);
+            if (d[1] == 1) {
+                Check.makes("sets", x, x.sets(0), 1, d[0] + "/1");
+            } else {
+                Check.refuses("sets", Check.STATE, () -> x.sets(0));
+                Check.refuses("cost", Check.STATE, () -> x.cost());
+            }
+        }
+        x.set(3, 0, 4, 90);
+        for (int load = 89; load <= 91; load++) {
+            x.set(4, 0, 0, load);
+            Check.is("LO is HI", x.dispatch(), load == 90 ? 1 : 0);
+        }
+        x.set(3, 0, 4, 0);
+        x.set(4, 0, 0, 0);
+        Check.makes("from 0", x, x.sets(0), 0, "0/1");
+        Check.sentence("p of a machine by THE DISPATCH (0, if it is not ON)");
+        x.set(3, 0, 4, 30);
+        Check.is("LO is above the load", x.dispatch(), 0);
+        x.set(3, 0, 0, 0);
+        Check.makes("not ON", x, x.sets(0), 0, "0/1");
+        Check.sentence("neither MW nor SHARES matter");
+        GridHouse y = Check.house(ONE);
+        y.set(3, 0, 1, 9999);
+        Check.is("STUCK", y.bar(0, 3), 1);
+        Check.makes("sets", y, y.sets(0), 1, "40/1");
+    }
+
+    private static void costs() {
+        Check.sentence("for p that COSTS C p up to M, C M and D (p - M) above");
+        GridHouse x = Check.house(ONE);
+        int[][] due = {{30, 60}, {49, 98}, {50, 100}, {51, 104}, {90, 260}};
+        for (int[] d : due) {
+            x.set(4, 0, 0, d[0]);
+            Check.makes("cost of " + d[0], x, x.cost(), 1, d[1] + "/1");
+        }
+        // the load is 40: M and what it costs
+        int[][] breaks = {{0, 160}, {1, 158}, {29, 102}, {30, 100}, {31, 98}, {39, 82}, {40, 80}, {41, 80}, {90, 80},
+            {91, 80}, {9999, 80}};
+        x.set(4, 0, 0, 40);
+        for (int[] b : breaks) {
+            x.set(3, 0, 7, b[0]);
+            Check.makes("with M " + b[0], x, x.cost(), 1, b[1] + "/1");
+            Check.makes("sets", x, x.sets(0), 1, "40/1");
+        }
+        x.set(3, 0, 7, 20);
+        x.set(3, 0, 6, 4);
+        Check.makes("C is D", x, x.cost(), 1, "160/1");
+        x.set(3, 0, 6, 0);
+        Check.makes("for nothing up to 20", x, x.cost(), 1, "80/1");
+        x.set(3, 0, 8, 0);
+        Check.makes("for nothing", x, x.cost(), 0, "0/1");
+    }
+
+    private static void greatCosts() {
+        Check.sentence("C, D 0 .. 999, MW 0 .. 9999");
+        StringBuilder t = new StringBuilder("bar a;");
+        for (int m = 0; m < 6; m++) {
+            t.append("machine g").append(m).append(" a 1 1 0 9999 998 1 999 1;");
+        }
+        for (int i = 0; i < 6; i++) {
+            t.append("load p").append(i).append(" a 9999;");
+        }
+        GridHouse x = Check.house(t.toString());
+        // 6 9999 999, less 1 for each machine
+        Check.makes("all give all", x, x.cost(), 1, "59934000/1");
+        for (int m = 0; m < 6; m++) {
+            Check.makes("sets", x, x.sets(m), 1, "9999/1");
+        }
+        Check.refuses("there is no 1 MW more", Check.STATE, () -> x.price(0));
+        x.set(4, 0, 0, 9998);
+        Check.makes("the first gives less", x, x.sets(0), 1, "9998/1");
+        Check.makes("price", x, x.price(0), 1, "999/1");
+        Check.makes("cost", x, x.cost(), 1, "59933001/1");
+    }
+
+    private static void limits() {
+        Check.sentence("no line there carries more than its LIMIT, without sign");
+        GridHouse x = Check.house(PAIR);
+        int[][] due = {{0, 0}, {10, 10}, {29, 29}, {30, 30}, {31, 30}, {9999, 30}};
+        for (int[] d : due) {
+            x.set(2, 0, 3, d[0]);
+            Check.makes("with LIMIT " + d[0], x, x.sets(0), d[1] == 0 ? 0 : 1, d[1] + "/1");
+        }
+        x.set(4, 0, 0, 0);
+        x.set(4, 1, 0, 30);
+        x.set(3, 1, 8, 999);
+        x.set(3, 1, 6, 1);
+        for (int[] d : due) {
+            x.set(2, 0, 3, d[0]);
+            Check.makes("from b to a, with LIMIT " + d[0], x, x.sets(1), d[1] == 0 ? 0 : 1, d[1] + "/1");
+        }
+        // g gives 20 at most: over the line 10 have to come
+        x.set(3, 0, 5, 20);
+        x.set(2, 0, 3, 10);
+        Check.is("just enough", x.dispatch(), 1);
+        x.set(2, 0, 3, 9);
+        Check.is("too little", x.dispatch(), 0);
+        x.set(2, 0, 3, 10);
+        x.set(3, 0, 5, 19);
+        Check.is("too little", x.dispatch(), 0);
+        // at least so much has to go
+        GridHouse y = Check.house(PAIR);
+        y.set(3, 0, 4, 10);
+        Check.is("LO is the LIMIT", y.dispatch(), 1);
+        y.set(3, 0, 4, 11);
+        Check.is("LO is above the LIMIT", y.dispatch(), 0);
+        y.set(2, 0, 0, 0);
+        Check.is("a line that is not IN has none to carry, and g none to give to", y.dispatch(), 0);
+        y.set(4, 1, 0, 11);
+        Check.is("dispatch", y.dispatch(), 1);
+    }
+
+    private static void islands() {
+        Check.sentence("so that in each LIVE island these are its loads' MW together");
+        GridHouse x = Check.house("bar a;bar b;bar c;line l b c 1 1 0;machine g a 1 1 0 5 1 9 1 1;machine h b 1 1 2 9 3 9 3 1;"
+                + "load p a 5;load q b 2;load r c 0;");
+        Check.is("dispatch", x.dispatch(), 1);
+        Check.makes("cost", x, x.cost(), 1, "11/1");
+        x.set(4, 0, 0, 6);
+        Check.is("a wants too much", x.dispatch(), 0);
+        Check.refuses("b's price", Check.STATE, () -> x.price(1));
+        Check.refuses("h's p", Check.STATE, () -> x.sets(1));
+        x.set(4, 0, 0, 5);
+        x.set(4, 1, 0, 1);
+        Check.is("b wants too little", x.dispatch(), 0);
+        x.set(4, 1, 0, 2);
+        x.set(4, 2, 0, 1);
+        Check.is("nothing goes to c", x.dispatch(), 0);
+        x.set(2, 0, 0, 0);
+        Check.is("c is DEAD: its load is LOST", x.dispatch(), 1);
+        x.set(4, 2, 0, 9999);
+        Check.is("c is DEAD", x.dispatch(), 1);
+        x.set(3, 0, 0, 0);
+        Check.makes("a is DEAD, too", x, x.cost(), 1, "6/1");
+        x.set(4, 0, 0, 9999);
+        Check.makes("a is DEAD, too", x, x.cost(), 1, "6/1");
+        Check.refuses("price", Check.STATE, () -> x.price(0));
+        Check.refuses("price", Check.STATE, () -> x.price(2));
+        Check.makes("price", x, x.price(1), 1, "3/1");
+    }
+
+    private static void ties() {
+        Check.sentence("of these with the least p of the first machine that is ON, of these with the least of the second one");
+        GridHouse x = Check.house("bar a;machine g a 1 1 1 9 3 5 3 1;machine h a 1 1 2 9 3 9 9 1;machine i a 1 1 0 9 3 2 3 1;"
+                + "load p a 12;");
+        String[] due = {"1/1", "2/1", "9/1"};
+        for (int m = 0; m < 3; m++) {
+            Check.makes("sets", x, x.sets(m), 1, due[m]);
+        }
+        x.set(4, 0, 0, 13);
+        due = new String[] {"1/1", "3/1", "9/1"};
+        for (int m = 0; m < 3; m++) {
+            Check.makes("sets", x, x.sets(m), 1, due[m]);
+        }
+        x.set(4, 0, 0, 20);
+        due = new String[] {"2/1", "9/1", "9/1"};
+        for (int m = 0; m < 3; m++) {
+            Check.makes("sets", x, x.sets(m), 1, due[m]);
+        }
+        x.set(3, 0, 0, 0);
+        x.set(4, 0, 0, 11);
+        due = new String[] {"0/1", "2/1", "9/1"};
+        for (int m = 0; m < 3; m++) {
+            Check.makes("g is not ON", x, x.sets(m), m == 0 ? 0 : 1, due[m]);
+        }
+        Check.sentence("least COST comes ahead of the least p");
+        GridHouse y = Check.house("bar a;machine g a 1 1 0 9 2 5 4 1;machine h a 1 1 0 9 3 9 3 1;load p a 9;");
+        Check.makes("sets", y, y.sets(0), 1, "5/1");
+        Check.makes("sets", y, y.sets(1), 1, "4/1");
+        y.set(3, 1, 6, 2);
+        y.set(3, 1, 8, 2);
+        Check.makes("alike in cost now", y, y.sets(0), 0, "0/1");
+    }
+
+    private static void prices() {
+        Check.sentence("the least COST, if 1 MW more were taken at it, less the least COST");
+        GridHouse x = Check.house(ONE);
+        int[][] due = {{30, 2}, {48, 2}, {49, 2}, {50, 4}, {89, 4}};
+        for (int[] d : due) {
+            x.set(4, 0, 0, d[0]);
+            Check.makes("price at " + d[0], x, x.price(0), 1, d[1] + "/1");
+        }
+        x.set(4, 0, 0, 90);
+        Check.is("dispatch", x.dispatch(), 1);
+        Check.refuses("there is none with 1 MW more", Check.STATE, () -> x.price(0));
+        x.set(4, 0, 0, 29);
+        Check.is("there is none now, with 1 MW more there would be", x.dispatch(), 0);
+        Check.refuses("price", Check.STATE, () -> x.price(0));
+        x.set(3, 0, 6, 0);
+        x.set(3, 0, 8, 0);
+        x.set(4, 0, 0, 40);
+        Check.makes("for nothing", x, x.price(0), 0, "0/1");
+        GridHouse y = Check.house(PAIR);
+        Check.makes("the line is full", y, y.price(1), 1, "5/1");
+        Check.makes("g's own", y, y.price(0), 1, "2/1");
+        y.set(2, 0, 3, 31);
+        Check.makes("1 MW more is just within", y, y.price(1), 1, "2/1");
+        y.set(2, 0, 3, 30);
+        Check.makes("it is not", y, y.price(1), 1, "5/1");
+        Check.inHand("stays in hand", y, "5/1");
+        Check.makes("the DISPATCH stays", y, y.cost(), 1, "60/1");
+        Check.is("the load stays", y.get(4, 0, 0), 30);
+        y.set(4, 0, 0, 9999);
+        Check.is("none", y.dispatch(), 0);
+    }
+
+    private static void fractionsOfPrices() {
+        Check.sentence("any fraction");
+        // 57/2 and 33/2; with 1 MW more 28 and 18
+        int[][] due = {{100, 78, 4}, {18, 78, 4}, {17, 78, 6}, {16, 79, 7}, {0, 111, 7}};
+        for (int[] d : due) {
+            GridHouse x = Check.house(RING);
+            x.set(3, 1, 8, 5);
+            x.set(3, 1, 7, d[0]);
+            Check.makes("sets", x, x.sets(0), 1, "57/2");
+            Check.makes("sets", x, x.sets(1), 1, "33/2");
+            Check.makes("cost", x, x.cost(), 1, d[1] + "/1");
+            Check.makes("price with M " + d[0], x, x.price(2), 1, d[2] + "/1");
+        }
+        GridHouse x = Check.house(RING);
+        x.set(3, 0, 7, 28);
+        x.set(3, 0, 8, 2);
+        Check.makes("M between", x, x.cost(), 1, "157/2");
+        Check.makes("price", x, x.price(2), 1, "7/2");
+    }
+
+    private static void noPrices() {
+        Check.sentence("IllegalState: there is no DISPATCH, the bar's island is DEAD, or there is none with 1 MW more");
+        GridHouse x = Check.house(PAIR + "bar c;load r c 3;");
+        Check.refuses("DEAD", Check.STATE, () -> x.price(2));
+        x.set(3, 1, 5, 20);
+        Check.makes("at a", x, x.price(0), 1, "2/1");
+        Check.refuses("h gives no more, the line is full", Check.STATE, () -> x.price(1));
+        x.set(3, 1, 5, 21);
+        Check.makes("h gives 1 more", x, x.price(1), 1, "5/1");
+        x.set(3, 0, 5, 10);
+        Check.makes("h gives less to the line", x, x.price(0), 1, "5/1");
+        x.set(3, 1, 5, 19);
+        Check.is("none", x.dispatch(), 0);
+        for (int bar = 0; bar < 3; bar++) {
+            int b = bar;
+            Check.refuses("none", Check.STATE, () -> x.price(b));
+        }
+    }
+
+    private static void nothing() {
+        Check.sentence("nothing to dispatch");
+        GridHouse x = Check.house("bar a;load p a 9;machine g a 1 1 3 5 1 1 1 1;");
+        Check.is("none", x.dispatch(), 0);
+        x.set(3, 0, 0, 0);
+        Check.is("no LIVE island", x.dispatch(), 1);
+        Check.makes("cost", x, x.cost(), 0, "0/1");
+        Check.makes("sets", x, x.sets(0), 0, "0/1");
+        Check.refuses("price", Check.STATE, () -> x.price(0));
+        GridHouse y = new GridHouse();
+        Check.is("no net", y.dispatch(), 1);
+        Check.makes("cost", y, y.cost(), 0, "0/1");
+        Check.sentence("Promise 43: by the net as it is now");
+        x.set(3, 0, 0, 1);
+        Check.is("none", x.dispatch(), 0);
+        x.set(3, 0, 5, 9);
+        Check.is("one", x.dispatch(), 1);
+        x.keep(0);
+        x.set(4, 0, 0, 10);
+        Check.is("none", x.dispatch(), 0);
+        x.back(0);
+        Check.is("one", x.dispatch(), 1);
+    }
+
+    private static void manyMachines() {
+        Check.sentence("MACHINES (6): all within their bounds, in the order of what they cost");
+        StringBuilder t = new StringBuilder("bar a;");
+        for (int m = 0; m < 6; m++) {
+            t.append("machine g").append(m).append(" a 1 1 1 10 ").append(6 - m).append(" 5 ").append(16 - m).append(" 1;");
+        }
+        GridHouse x = Check.house(t + "load p a 6;");
+        x.set(4, 0, 0, 5);
+        Check.is("below all LO", x.dispatch(), 0);
+        // each load with the machine that gives the last of it: 4 more each, the last one first; then 5 each
+        for (int load = 6; load <= 60; load++) {
+            x.set(4, 0, 0, load);
+            for (int m = 0; m < 6; m++) {
+                int low = Math.max(0, Math.min(4, load - 6 - 4 * (5 - m)));
+                int high = Math.max(0, Math.min(5, load - 30 - 5 * (5 - m)));
+                Check.makes("sets with " + load, x, x.sets(m), 1, 1 + low + high + "/1");
+            }
+        }
+        x.set(4, 0, 0, 61);
+        Check.is("above all HI", x.dispatch(), 0);
+    }
+}
