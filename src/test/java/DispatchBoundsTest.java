@@ -17,6 +17,8 @@ public final class DispatchBoundsTest {
         limits();
         islands();
         ties();
+        tiesUnderLimits();
+        backAgain();
         prices();
         fractionsOfPrices();
         noPrices();
@@ -204,6 +206,77 @@ public final class DispatchBoundsTest {
         y.set(3, 1, 6, 2);
         y.set(3, 1, 8, 2);
         Check.makes("alike in cost now", y, y.sets(0), 0, "0/1");
+    }
+
+    /** Of what g gives to c two thirds go over m and one third over l, of what h gives the other way round. */
+    private static final String TIED = "bar a;bar b;bar c;line k a b 1 1 99;line l b c 1 1 99;line m a c 1 1 20;"
+            + "machine g a 1 1 0 100 1 100 1 1;machine h b 1 1 0 100 1 100 1 1;machine i c 1 1 0 0 1 100 1 1;load p c 45;";
+
+    private static void given(GridHouse x, String... due) {
+        for (int m = 0; m < 3; m++) {
+            Check.makes("sets " + m, x, x.sets(m), due[m].equals("0/1") ? 0 : 1, due[m]);
+        }
+    }
+
+    private static void tiesUnderLimits() {
+        Check.sentence("of these with the least p of the first machine that is ON, and so on, under LIMITS");
+        GridHouse x = Check.house(TIED);
+        given(x, "0/1", "45/1", "0/1");
+        x.set(2, 1, 3, 30);
+        given(x, "0/1", "45/1", "0/1");
+        x.set(2, 1, 3, 29);
+        given(x, "3/1", "42/1", "0/1");
+        x.set(2, 1, 3, 26);
+        given(x, "12/1", "33/1", "0/1");
+        x.set(2, 1, 3, 25);
+        given(x, "15/1", "30/1", "0/1");
+        Check.makes("cost", x, x.cost(), 1, "45/1");
+        x.set(2, 1, 3, 24);
+        Check.is("both lines are full", x.dispatch(), 0);
+        Check.refuses("price", Check.STATE, () -> x.price(2));
+        x.set(3, 2, 5, 10);
+        // i has to give 1 at least, and gives 10, for then g gives least
+        given(x, "0/1", "35/1", "10/1");
+        x.set(2, 1, 3, 20);
+        given(x, "10/1", "25/1", "10/1");
+        Check.makes("price", x, x.price(2), 1, "1/1");
+        x.set(3, 2, 6, 0);
+        x.set(3, 2, 8, 0);
+        given(x, "10/1", "25/1", "10/1");
+        x.set(3, 2, 8, 2);
+        x.set(3, 2, 6, 2);
+        // 40 go over both lines
+        given(x, "20/1", "20/1", "5/1");
+        Check.makes("cost", x, x.cost(), 1, "50/1");
+        x.set(2, 1, 3, 25);
+        given(x, "15/1", "30/1", "0/1");
+        x.set(2, 1, 3, 26);
+        given(x, "12/1", "33/1", "0/1");
+    }
+
+    /** Parts that the cheapest row without LIMITS takes whole have to be given back. */
+    private static void backAgain() {
+        Check.sentence("THE DISPATCH is that of all with the least COST in all");
+        int[][] due = {{100, 105, 5}, {45, 105, 5}, {30, 105, 5}, {16, 105, 5}, {15, 105, 5}, {14, 106, 4}, {1, 119, 4},
+            {0, 120, 4}};
+        for (int[] d : due) {
+            for (int low = 0; low <= 15; low += 5) {
+                GridHouse x = Check.house(TIED);
+                x.set(3, 1, 8, 3);
+                x.set(3, 1, 6, 3);
+                x.set(3, 0, 8, 2);
+                x.set(3, 0, 7, d[0]);
+                x.set(3, 0, 4, low);
+                x.set(3, 1, 4, 2 * low);
+                given(x, "15/1", "30/1", "0/1");
+                Check.makes("cost with M " + d[0], x, x.cost(), 1, d[1] + "/1");
+                if (low < 15) {
+                    Check.makes("price with M " + d[0], x, x.price(2), 1, d[2] + "/1");
+                } else {
+                    Check.refuses("g cannot give less", Check.STATE, () -> x.price(2));
+                }
+            }
+        }
     }
 
     private static void prices() {

@@ -17,6 +17,7 @@ public final class EstimateBoundsTest {
         spreads();
         worst();
         ties();
+        allMeters();
         Check.close("EstimateBoundsTest");
     }
 
@@ -254,6 +255,44 @@ public final class EstimateBoundsTest {
         x.set(2, 0, 0, 0);
         x.set(2, 1, 0, 0);
         Check.is("by REST^2 w", x.worst(), 3);
+    }
+
+    /** 32 meters, none STRUCK, on sixteen bars in a row: two of each bar's angle, 1 and 3 beside the true one. */
+    private static void allMeters() {
+        Check.sentence("METERS (32): all count");
+        StringBuilder t = new StringBuilder();
+        for (int b = 0; b < 16; b++) {
+            t.append("bar b").append(b).append(";");
+        }
+        for (int l = 0; l < 15; l++) {
+            t.append("line l").append(l).append(" b").append(l).append(" b").append(l + 1).append(" 9 1 1;");
+        }
+        GridHouse x = Check.house(t.toString());
+        for (int m = 0; m < 32; m++) {
+            Check.is("meter", x.meter(2, 15 - m % 16, 100 * (15 - m % 16) + (m < 16 ? -1 : 3), m < 16 ? 3 : 1), m);
+            Check.is("seen", x.seen(0), m < 14 ? 1 : 2);
+            Check.is("seen", x.seen(15), m < 14 ? 1 : 2);
+            Check.is("seen", x.seen(1), m < 14 ? 0 : 2);
+        }
+        for (int b = 0; b < 16; b++) {
+            Check.makes("estimate", x, x.estimate(b), b == 0 ? 0 : 1, 100 * b + "/1");
+        }
+        for (int m = 0; m < 32; m++) {
+            boolean first = m % 16 == 15;
+            Check.makes("rest", x, x.rest(m, 0), m < 16 ? -1 : 1, (m < 16 ? 1 : 3) + "/1");
+            Check.makes("spread", x, x.rest(m, 1), 1, first ? m < 16 ? "1/3" : "1/1" : m < 16 ? "1/12" : "3/4");
+        }
+        // 1 by 1/12, and 9 by 3/4, are 12
+        Check.is("worst", x.worst(), 0);
+        x.strike(16, true);
+        Check.is("then m 0 tells b15 alone", x.worst(), 1);
+        x.strike(16, false);
+        x.strike(0, true);
+        Check.is("worst", x.worst(), 1);
+        for (int m = 1; m < 15; m++) {
+            x.strike(m, true);
+        }
+        Check.is("9 by 1", x.worst(), 31);
     }
 
     private static void ties() {

@@ -19,6 +19,7 @@ public final class FlowBoundsTest {
         lostMore();
         overMore();
         allLines();
+        greatestNet();
         Check.close("FlowBoundsTest");
     }
 
@@ -353,5 +354,74 @@ public final class FlowBoundsTest {
         x.set(2, 0, 0, 0);
         Check.is("nineteen are OVER", x.count(14), 19);
         Check.is("fewer then", x.screen(), 0);
+    }
+
+    /** A row of all sixteen bars, the first five lines twice; machines at the first bar, loads at the last. */
+    private static void greatestNet() {
+        Check.sentence("BARS (16 at most), SWITCHES (24), LINES (20), MACHINES (6), LOADS (12): all count in what is asked");
+        StringBuilder t = new StringBuilder();
+        for (int b = 0; b < 16; b++) {
+            t.append("bar b").append(b).append(";");
+        }
+        for (int s = 0; s < 24; s++) {
+            t.append("switch s").append(s).append(" b").append(s % 16).append(" b15".equals(" b" + s % 16) ? " b0" : " b15")
+                    .append(" open 1;");
+        }
+        for (int l = 0; l < 20; l++) {
+            int i = l % 15;
+            t.append("line l").append(l).append(" b").append(i).append(" b").append(i + 1).append(" ").append(i + 1)
+                    .append(" 1 9999;");
+        }
+        for (int m = 0; m < 6; m++) {
+            t.append("machine m").append(m).append(" b0 60 60 0 ").append(m == 5 ? 99 : 0).append(" 1 1 1 ")
+                    .append(m == 5 ? 1 : 0).append(";");
+        }
+        for (int i = 0; i < 12; i++) {
+            t.append("load o").append(i).append(" b15 1;");
+        }
+        GridHouse x = Check.house(t.toString());
+        Check.is("nodes", x.count(10), 16);
+        Check.is("islands", x.count(11), 1);
+        Check.makes("the last machine gives all", x, x.gives(5), 1, "12/1");
+        int twice = 0;
+        for (int b = 0; b < 16; b++) {
+            Check.makes("angle", x, x.angle(b), b == 0 ? 0 : -1, 6 * twice + "/1");
+            twice += b < 5 ? b + 1 : 2 * (b + 1);
+        }
+        for (int l = 0; l < 20; l++) {
+            Check.makes("carries", x, x.carries(l), 1, (l < 5 || l >= 15 ? 6 : 12) + "/1");
+        }
+        Check.is("ten lines are needed", x.screen(), 10);
+        trouble(x, 9, 14, 2, 12, 0);
+        Check.is("dispatch", x.dispatch(), 1);
+        Check.makes("sets", x, x.sets(5), 1, "12/1");
+        Check.makes("price", x, x.price(15), 1, "1/1");
+        x.shortAt(0, 15, 0);
+        // six machines of 60 are 10, the row is 112 and a half
+        Check.makes("into", x, x.into(1), 1, "400/49");
+        for (int l = 0; l < 15; l++) {
+            x.meter(0, l, 12, 1);
+        }
+        Check.is("all are SEEN", x.seen(15), 2);
+        Check.makes("estimate", x, x.estimate(15), -1, "1440/1");
+        x.strike(14, true);
+        Check.is("b15 is not", x.seen(15), 0);
+        Check.is("b14 is", x.seen(14), 1);
+        x.set(2, 14, 0, 0);
+        Check.is("LOST", x.count(15), 12);
+        Check.is("DEAD", x.bar(15, 2), 0);
+        Check.is("its own island", x.bar(15, 1), 15);
+        Check.is("the first switch brings it back", x.restore(3), 1);
+        Check.is("step", x.step(0), 0);
+        x.set(1, 23, 0, 2);
+        Check.is("an unknown switch", x.bar(15, 4), 2);
+        x.set(1, 23, 0, 1);
+        // b7 and b15
+        Check.is("the last switch", x.bar(15, 0), 7);
+        Check.is("LOST", x.count(15), 0);
+        x.set(1, 15, 0, 1);
+        // b15 and b0
+        Check.is("the least bar of the node", x.bar(7, 0), 0);
+        Check.is("nodes", x.count(10), 14);
     }
 }

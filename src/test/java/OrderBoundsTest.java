@@ -33,6 +33,8 @@ public final class OrderBoundsTest {
         noneBarred();
         best();
         steps();
+        overAhead();
+        oldTexts();
         Check.close("OrderBoundsTest");
     }
 
@@ -670,6 +672,84 @@ public final class OrderBoundsTest {
         found(x, 2, 0, 4);
         x.set(1, 4, 0, 2);
         found(x, 2, 0, 1);
+    }
+
+    private static void overAhead() {
+        Check.sentence("PRED is asked of the net ahead of the step, in a row to restore, too");
+        GridHouse x = Check.house(STAR + "line l a b 1 1 0;");
+        x.set(2, 0, 0, 0);
+        String[] none = {"over is 0", "over below 1", "loops is 0", "lost is 31", "live from", "not live to", "not joined from to"};
+        for (String pred : none) {
+            Check.rules(x, "no close if " + pred + ";");
+            found(x, 3);
+        }
+        String[] all = {"over above 0", "over is 1", "over is 100", "loops above 0", "lost is 0", "live to", "closed it", "tagged it"};
+        for (String pred : all) {
+            Check.rules(x, "no close if " + pred + ";");
+            found(x, 3, 2, 3, 4);
+        }
+        Check.sentence("each ahead of its own step: the second one, too");
+        Check.rules(x, "no close if lost is 15 or lost is 23;");
+        found(x, 2, 2, 4);
+        Check.rules(x, "no close if closed w or closed v and joined to d;");
+        found(x, 3, 2, 3, 4);
+        found(x, 2, 3, 4);
+        // now and then lines are OVER: only the first step may be taken with none
+        x.set(2, 0, 0, 1);
+        Check.is("OVER", x.count(14), 1);
+        Check.rules(x, "no close if over is 1;");
+        found(x, 3);
+        Check.rules(x, "no close if over is 0;");
+        found(x, 1);
+        x.set(4, 0, 0, 0);
+        found(x, 1);
+        Check.rules(x, "no close if over is 1;");
+        found(x, 1, 4);
+    }
+
+    private static void oldTexts() {
+        Check.sentence("Promise 5: THE TAPE is read as rules, in place of those there were");
+        GridHouse x = Check.house(NET);
+        Check.order(x, "close s;");
+        String two = "no tag if lost is 1;no close if lost is 0;";
+        String one = "no tag if lost is 1;";
+        for (int turn = 0; turn < 3; turn++) {
+            Check.is("two", Check.rules(x, two), 2);
+            Check.is("barred", x.barred(1), 1);
+            Check.is("one", Check.rules(x, one), 1);
+            Check.is("not barred", x.barred(0), -1);
+            Check.is("one", Check.rules(x, one), 1);
+            Check.is("not barred", x.barred(0), -1);
+        }
+        Check.sentence("With a FAULT they stay");
+        Check.is("rules", Check.rules(x, one + "no close if lost is 0;"), 2);
+        for (String wrong : new String[] {"no close if not not", "no open if lost is 0;no", "no close if not (not (lost is 1 and",
+            "no tag if (lost is 1) and (lost is 2", "no close if lost is 1;no close if lost is 2;no close if lost is 3;x"}) {
+            Check.is("rules " + wrong, Check.rules(x, wrong) < 0, true);
+            Check.is("they stay", x.count(7), 2);
+            Check.is("they stay", x.barred(1), 1);
+            Check.is("a rule behind a FAULT", bars(x, "not (lost is 1) and lost is 0"), true);
+            Check.is("a rule behind a FAULT", bars(x, "lost is 1 or lost is 2"), false);
+            Check.is("rules", Check.rules(x, one + "no close if lost is 0;"), 2);
+        }
+        Check.is("order", Check.order(x, "tag s;close s;"), 2);
+        for (String wrong : new String[] {"earth a;earth b;earth c;x", "tag t;tag", "open t;open a;"}) {
+            Check.is("order " + wrong, Check.order(x, wrong) < 0, true);
+            Check.is("they stay", x.count(8), 2);
+            Check.is("they stay", x.barred(0), 1);
+        }
+        Check.sentence("Promise 49: of the switches of the net as it is");
+        GridHouse y = Check.house("bar a;bar b;switch s a b open 1;machine g a 1 1 0 9 1 1 1 1;load p b 5;");
+        Check.is("restore", y.restore(1), 1);
+        Check.net(y, "bar a;bar b;machine g a 1 1 0 9 1 1 1 1;load p b 5;");
+        Check.is("no switch", y.restore(1), 0);
+        GridHouse z = Check.house(nine(24));
+        for (int s = 0; s < 24; s++) {
+            z.set(1, s, 0, 2);
+        }
+        Check.is("none of 24 is open", z.restore(3), 0);
+        z.set(1, 23, 0, 0);
+        found(z, 3, 23);
     }
 
     private static void steps() {

@@ -29,6 +29,9 @@ public final class RelayBoundsTest {
         latest();
         manyOpened();
         noRun();
+        secondLine();
+        unknownInRun();
+        newNets();
         Check.close("RelayBoundsTest");
     }
 
@@ -436,6 +439,72 @@ public final class RelayBoundsTest {
         for (int none : new int[] {24, -1, Integer.MIN_VALUE, Integer.MAX_VALUE}) {
             Check.is("ordered", x.ordered(none), false);
         }
+    }
+
+    private static void secondLine() {
+        Check.sentence("A RELAY is at an end of a line");
+        // 5 and 3 beside 5
+        GridHouse x = Check.house("bar a;bar b;switch s a b open 1;line l a b 3 1 1;line k b a 5 1 1;"
+                + "machine g a 5 1 0 9 1 1 1 1;");
+        x.shortAt(0, 1, 0);
+        Check.makes("into", x, x.into(1), 1, "1600/11");
+        Check.makes("l", x, x.current(0, 0, 1), 1, "1000/11");
+        Check.makes("k", x, x.current(1, 1, 1), 1, "600/11");
+        for (int r = 0; r < 4; r++) {
+            x.relay(r / 2, r % 2, 0, 0);
+            for (int setting : new int[] {54, 55, 90, 91}) {
+                x.row(r, setting, 0);
+            }
+        }
+        for (int row = 0; row < 4; row++) {
+            Check.is("l", x.met(0, row), row < 3);
+            Check.is("l", x.met(1, row), row < 3);
+            Check.is("k", x.met(2, row), row < 1);
+            Check.is("k", x.met(3, row), row < 1);
+        }
+        Check.is("begin", x.begin(), 8);
+        for (int r = 4; r < 8; r++) {
+            x.relay((r - 4) / 2, r % 2, 0, 1);
+            x.row(r, 99999, 0);
+        }
+        Check.is("out of l at b", x.met(5, 0), false);
+        Check.is("into l at a", x.met(4, 0), true);
+        Check.is("out of k at b", x.met(6, 0), false);
+        Check.is("into k at a", x.met(7, 0), true);
+    }
+
+    private static void unknownInRun() {
+        Check.sentence("An unknown one counts as open, in a RUN, too");
+        GridHouse x = again(12);
+        x.set(1, 1, 0, 2);
+        // without k, which is behind u: g and h beside one another, and l
+        Check.makes("l", x, x.current(0, 0, 1), 1, "1000/3");
+        x.row(2, 333, 0);
+        x.row(2, 334, 0);
+        Check.is("333 and 1/3", x.begin(), 4);
+        Check.is("s and w, none for u", x.run(0), 2);
+        Check.is("ordered", x.ordered(1), false);
+        x.set(1, 1, 0, 1);
+        x.set(1, 0, 0, 2);
+        Check.makes("l", x, x.current(0, 0, 1), 1, "500/3");
+        Check.is("166 and 2/3", x.begin(), 2);
+    }
+
+    private static void newNets() {
+        Check.sentence("Promise 4: meters, relays go, too");
+        GridHouse x = again(12);
+        x.row(0, 1, 1);
+        x.meter(2, 1, 5, 1);
+        x.strike(0, true);
+        Check.net(x, AGAIN);
+        Check.refuses("no relay", Check.INDEX, () -> x.met(0, 0));
+        Check.refuses("no relay", Check.INDEX, () -> x.row(0, 0, 0));
+        Check.refuses("no meter", Check.INDEX, () -> x.strike(0, false));
+        Check.is("relay", x.relay(0, 0, 0, 0), 0);
+        Check.refuses("no rows yet", Check.INDEX, () -> x.met(0, 0));
+        Check.is("row", x.row(0, 7, 0), 0);
+        Check.is("meter", x.meter(2, 1, 5, 1), 0);
+        Check.is("it is not STRUCK", x.strike(0, false), false);
     }
 
     private static void noRun() {

@@ -16,6 +16,7 @@ public final class ShortBoundsTest {
         kindsAndZ();
         parts();
         zeros();
+        meshed();
         oneNode();
         voids();
         voltages();
@@ -148,6 +149,29 @@ public final class ShortBoundsTest {
         into("2 5/3 and 11", y, ALL, "3000/43", "3000/43", "3000/43");
         y.set(3, 1, 0, 0);
         into("the one with a Z is not ON", y, NOTHING, "0/1", "0/1", "0/1");
+    }
+
+    /** Two ways to earth: p is 1 beside 2, q 2 beside 3. */
+    private static void meshed() {
+        Check.sentence("P1(n) is the potential of node n, if 1 flows in at the PLACE; P0(n) likewise in the ZERO NET");
+        GridHouse x = Check.house("bar a;bar b;line l a b 1 2 1;machine g a 1 1 0 9 1 1 1 1;machine h b 1 2 0 9 1 1 1 1;");
+        x.shortAt(0, 1, 0);
+        into("2/3", x, FIRST, "0/1", "1500/1", "0/1");
+        x.shortAt(2, 1, 1);
+        into("7/3", x, TWO, "0/1", "3000/7", "3000/7");
+        x.shortAt(1, 1, 1);
+        into("4/3, 6/5 and 3", x, ALL, "15000/83", "15000/83", "15000/83");
+        x.shortAt(1, 1, 0);
+        into("4/3 and 6/5", x, ALL, "7500/19", "7500/19", "7500/19");
+        Check.makes("V1", x, x.voltage(0, 1), 1, "16500/19");
+        Check.makes("V2", x, x.voltage(0, 2), -1, "2500/19");
+        Check.makes("V0", x, x.voltage(0, 0), -1, "3000/19");
+        Check.makes("a third", x, x.current(0, 0, 1), 1, "2500/19");
+        Check.makes("two fifths", x, x.current(0, 0, 0), 1, "3000/19");
+        x.shortAt(3, 1, 0);
+        into("h is 6/5", x, EARTH, "7500/23", "21000/23", "13500/23");
+        x.shortAt(3, 1, 1);
+        into("h is 21/5", x, EARTH, "1875/17", "27375/34", "23625/34");
     }
 
     private static void oneNode() {

@@ -27,6 +27,7 @@ public final class TextBoundsTest {
         atFirst();
         netStays();
         netGoes();
+        oldNames();
         feeds();
         finds();
         counts();
@@ -409,7 +410,7 @@ public final class TextBoundsTest {
             Check.is("the tape", x.count(9), 0);
             Check.is("all is as it was", Told.of(x).equals(Told.of(filled())), true);
         }
-        for (String text : new String[] {"no", "no tag if lost is 1;no", "x", "no tag if lost is 1;;"}) {
+        for (String text : new String[] {"no", "no close if lost is 11;no", "x", "no close if lost is 11;;"}) {
             Check.sentence("Promise 5: with a FAULT -1 less it, and they stay");
             GridHouse x = filled();
             Check.is("rules", Check.rules(x, text) < 0, true);
@@ -455,6 +456,49 @@ public final class TextBoundsTest {
         x.worst();
         x.screen();
         Check.inHand("behind calls that make none", x, "6/1");
+    }
+
+    /** What a greater net told is not there any more, neither for a text nor for what is asked of the smaller net. */
+    private static void oldNames() {
+        Check.sentence("Promise 4: THE TAPE is read as a net, in place of the one there was");
+        StringBuilder t = new StringBuilder(TWO);
+        for (int sort = 0; sort < 5; sort++) {
+            for (int i = sort == 0 ? 2 : 0; i < MOST[sort]; i++) {
+                t.append(SORTS[sort]).append("bslmo".charAt(sort)).append(i).append(TAILS[sort].replace("open", "closed"));
+            }
+        }
+        String small = "bar a;bar b;bar c;switch x a b open 1;line y a b 1 1 1;machine z a 1 1 1 1 1 1 1 1;load w a 1;";
+        GridHouse x = Check.house(t.toString());
+        x.net();
+        Check.is("find in a net without objects", Check.find(x, "b2"), -1);
+        Check.is("net", Check.net(x, t.toString()), 16);
+        Check.is("net", Check.net(x, small), 3);
+        for (int sort = 0; sort < 5; sort++) {
+            for (int i = sort == 0 ? 2 : 0; i < MOST[sort]; i++) {
+                Check.is("find an old name", Check.find(x, "" + "bslmo".charAt(sort) + i), -1);
+            }
+            int count = x.count(sort);
+            int old = sort;
+            Check.is("name", x.name(sort, count, 0), -1);
+            Check.refuses("get", Check.INDEX, () -> x.get(old, count, 0));
+        }
+        Check.is("an old switch", Check.order(x, "open s1;"), -6);
+        Check.is("an old bar", Check.order(x, "earth b3;"), -7);
+        Check.is("an old switch", Check.rules(x, "no tag if closed s1;"), -18);
+        Check.is("an old bar", Check.rules(x, "no tag if live b3;"), -16);
+        Check.is("an old bar", Check.net(x, "bar a;load p b3 1;"), -14);
+        Check.is("an old bar", Check.net(x, "bar a;bar b;bar c;bar d;load p b4 1;"), -32);
+        Check.is("an old bar's name is free", Check.net(x, "bar b2;bar b3;load s1 b3 1;load w b2 7;"), 2);
+        Check.is("net", Check.net(x, small), 3);
+        Check.is("as if there had been none", Told.of(x).equals(Told.of(Check.house(small))), true);
+        GridHouse y = Check.house(t.toString());
+        Check.net(y, small);
+        Check.is("nodes", y.count(10), 3);
+        Check.is("islands", y.count(11), 2);
+        Check.is("rules", Check.rules(y, "no tag if loops above 0;no tag if lost above 0;no tag if over above 0;"), 3);
+        Check.order(y, "tag x;");
+        Check.is("nothing of the old net is asked", y.barred(0), -1);
+        Check.is("restore", y.restore(3), 0);
     }
 
     private static void feeds() {
