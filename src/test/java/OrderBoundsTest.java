@@ -35,6 +35,7 @@ public final class OrderBoundsTest {
         steps();
         overAhead();
         oldTexts();
+        longTexts();
         Check.close("OrderBoundsTest");
     }
 
@@ -750,6 +751,44 @@ public final class OrderBoundsTest {
         Check.is("none of 24 is open", z.restore(3), 0);
         z.set(1, 23, 0, 0);
         found(z, 3, 23);
+    }
+
+    /** Rules that fill the tape to its last byte, with as many PREDs as can be: the last one decides. */
+    private static void longTexts() {
+        Check.sentence("THE TAPE may have 4000 bytes, all of them of one rule, or of twelve");
+        for (int rules = 1; rules <= 12; rules += 11) {
+            for (int value = 0; value <= 1; value++) {
+                StringBuilder t = new StringBuilder();
+                for (int i = 1; i <= rules; i++) {
+                    t.append("no close if live b");
+                    while (t.length() + 10 + 14 <= 4000 * i / rules) {
+                        t.append(" or live b");
+                    }
+                    String last = " or lost is " + (i < rules ? 9 : 31 * value) + ";";
+                    while (t.length() + last.length() < 4000 * i / rules) {
+                        t.append(" ");
+                    }
+                    t.append(last);
+                }
+                GridHouse x = Check.house(STAR);
+                Check.is("as long as the tape", t.length(), 4000);
+                Check.is("rules", Check.rules(x, t.toString()), rules);
+                Check.order(x, "close s;");
+                Check.is("the last PRED", x.barred(1), value == 1 ? rules - 1 : -1);
+                String cut = t.substring(0, 3999);
+                Check.is("without its last byte", Check.rules(x, cut), -4000);
+                Check.is("with another last byte", Check.rules(x, cut + ")"), -4000);
+                Check.is("they stay", x.count(7), rules);
+            }
+        }
+        StringBuilder order = new StringBuilder();
+        while (order.length() < 3992) {
+            order.append(order.length() % 2 == 0 ? " " : "\n");
+        }
+        GridHouse x = Check.house(STAR);
+        Check.is("an order at the end", Check.order(x, order + "untag t;"), 1);
+        Check.is("no such switch", Check.order(x, order + "tag  ab;"), -1 - 3997);
+        Check.is("count", x.count(8), 1);
     }
 
     private static void steps() {

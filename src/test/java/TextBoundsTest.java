@@ -35,6 +35,7 @@ public final class TextBoundsTest {
         sets();
         keeps();
         nodes();
+        calls();
         Check.close("TextBoundsTest");
     }
 
@@ -705,6 +706,17 @@ public final class TextBoundsTest {
         Check.is("the run goes on", x.run(0), 0);
         x.back(0);
         Check.refuses("the run ended", Check.STATE, () -> x.run(0));
+    }
+
+    private static void calls() {
+        Check.sentence("An object is used for at most 512 calls after it has been made");
+        GridHouse x = new GridHouse();
+        x.feed(0x62617220, 0x613b2020, 0x20202020, 0x20202020, 0x20202020);
+        Check.is("call 2", x.net(), 1);
+        for (int call = 3; call < 512; call++) {
+            Check.is("call " + call, call % 2 == 0 ? x.count(0) : x.bar(0, 0), call % 2 == 0 ? 1 : 0);
+        }
+        Check.is("call 512", x.name(0, 0, 0), 'a');
     }
 
     private static void nodes() {
