@@ -26,6 +26,7 @@ public final class RefusalTest {
     public static void main(String[] args) {
         on(() -> busy());
         notices();
+        questions();
         texts();
         fields();
         flows();
@@ -114,6 +115,59 @@ public final class RefusalTest {
         change("run", x -> x.run(7));
         change("carry", x -> x.carry());
         change("restore", x -> x.restore(1));
+    }
+
+    private static void ask(String what, Act act) {
+        GridHouse x = maker.make();
+        act.on(x);
+        x.angle(2);
+        Check.is(what + " leaves all but the number in hand", Told.of(x).equals(untouched), true);
+    }
+
+    /** Calls that only ask: the run goes on, and all else stays; the number in hand is made anew as it was. */
+    private static void questions() {
+        ask("nothing", x -> x.count(0));
+        for (int sort = 0; sort <= 15; sort++) {
+            int s = sort;
+            ask("count " + s, x -> x.count(s));
+        }
+        ask("name", x -> x.name(0, 0, 0));
+        ask("name of none", x -> x.name(9, 9, 9));
+        ask("get", x -> x.get(3, 0, 10));
+        for (int what = 0; what < 5; what++) {
+            int w = what;
+            ask("bar " + w, x -> x.bar(4, w));
+            ask("voltage " + w, x -> x.voltage(3, w));
+            ask("current " + w, x -> x.current(1, 1, w));
+        }
+        ask("angle", x -> x.angle(3));
+        ask("carries", x -> x.carries(0));
+        ask("gives", x -> x.gives(1));
+        ask("figures", x -> x.figures(1));
+        ask("figure", x -> x.figure(0, 0));
+        ask("screen", x -> x.screen());
+        ask("trouble", x -> x.trouble(0, 3));
+        ask("seen", x -> x.seen(4));
+        ask("estimate", x -> x.estimate(4));
+        ask("rest", x -> x.rest(3, 0));
+        ask("spread", x -> x.rest(3, 1));
+        ask("worst", x -> x.worst());
+        ask("strike as it was", x -> x.strike(1, true));
+        ask("keep what was kept", x -> x.keep(1));
+        ask("into", x -> x.into(0));
+        ask("met", x -> x.met(0, 1));
+        ask("opened", x -> x.opened(0, 0));
+        ask("ordered", x -> x.ordered(0));
+        ask("run to its TIME", x -> x.run(6));
+        ask("dispatch", x -> x.dispatch());
+        ask("cost", x -> x.cost());
+        ask("sets", x -> x.sets(0));
+        ask("price", x -> x.price(0));
+        ask("barred", x -> x.barred(0));
+        ask("barred by", x -> x.barred(1));
+        ask("the same restore", x -> x.restore(2));
+        ask("step", x -> x.step(0));
+        ask("end at its end", x -> x.end(11));
     }
 
     private static void texts() {
