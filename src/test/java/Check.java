@@ -11,6 +11,16 @@ final class Check {
     private Check() {
     }
 
+    /** Whether the program is built as README.md tells: what only that way asks for is not asked of another one. */
+    static boolean isBuiltWith(String inside) {
+        for (Class<?> c : GridHouse.class.getDeclaredClasses()) {
+            if (c.getSimpleName().equals(inside)) {
+                return true;
+            }
+        }
+        return false;
+    }
+
     static void promise(int n) {
         about = "promise " + n;
     }

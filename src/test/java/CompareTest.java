@@ -16,7 +16,7 @@ public final class CompareTest {
     /** The first seed, how many, the size of the nets (0 to 2; mixed without it). */
     public static void main(String[] args) {
         long first = args.length > 0 ? Long.parseLong(args[0]) : 1;
-        int runs = args.length > 1 ? Integer.parseInt(args[1]) : 200;
+        int runs = args.length > 1 ? Integer.parseInt(args[1]) : 400;
         int size = args.length > 2 ? Integer.parseInt(args[2]) : -1;
         int wrong = 0;
         for (int i = 0; i < runs && wrong < 3; i++) {
@@ -53,7 +53,7 @@ public final class CompareTest {
     private boolean run(int size) {
         pair.net(texts.net(size));
         int calls = size == 2 ? 60 : 150;
-        for (int i = 0; i < calls && pair.same; i++) {
+        for (int i = 0; i < calls && pair.same && pair.hasRoom(1); i++) {
             call();
             if (one(3)) {
                 pair.count(upTo(17) - 1);
@@ -132,7 +132,7 @@ public final class CompareTest {
 
     private void fields() {
         int sort = one(25) ? upTo(8) - 1 : upTo(4);
-        int i = some(sort >= 0 && sort < 5 ? house.count(sort) : 0);
+        int i = some(sort >= 0 && sort < 5 ? reference.count(sort) : 0);
         int field = upTo(12) - 1;
         int k = within(0, 2);
         switch (upTo(8)) {
@@ -152,7 +152,7 @@ public final class CompareTest {
                 break;
             default:
                 int s = one(4) ? sort : 1 + upTo(3);
-                int j = some(house.count(s < 0 || s > 4 ? 0 : s));
+                int j = some(reference.count(s < 0 || s > 4 ? 0 : s));
                 int v = one(4) ? upTo(10500) - 100 : one(7) ? upTo(150) : upTo(2);
                 pair.set(s, j, one(3) ? field : 0, v);
                 break;
@@ -160,7 +160,7 @@ public final class CompareTest {
     }
 
     private void flows() {
-        int bar = some(house.count(0));
+        int bar = some(reference.count(0));
         int what = upTo(6) - 1;
         switch (upTo(5)) {
             case 0:
@@ -170,10 +170,10 @@ public final class CompareTest {
                 pair.angle(bar);
                 break;
             case 2:
-                pair.carries(some(house.count(2)));
+                pair.carries(some(reference.count(2)));
                 break;
             case 3:
-                pair.gives(some(house.count(3)));
+                pair.gives(some(reference.count(3)));
                 break;
             case 4:
                 pair.screen();
@@ -188,21 +188,21 @@ public final class CompareTest {
         for (int i = upTo(6); i >= 0; i--) {
             int kind = within(0, 2);
             int v = one(30) ? 99998 + upTo(3) : upTo(400) - 200;
-            pair.meter(kind, some(house.count(kind == 0 ? 2 : 0)), v, one(2) ? 1 + upTo(3) : within(1, 99));
+            pair.meter(kind, some(reference.count(kind == 0 ? 2 : 0)), v, one(2) ? 1 + upTo(3) : within(1, 99));
         }
         for (int i = 0; i < 5; i++) {
             switch (upTo(4)) {
                 case 0:
-                    pair.strike(some(house.count(5)), one(3));
+                    pair.strike(some(reference.count(5)), one(3));
                     break;
                 case 1:
-                    pair.seen(some(house.count(0)));
+                    pair.seen(some(reference.count(0)));
                     break;
                 case 2:
-                    pair.estimate(some(house.count(0)));
+                    pair.estimate(some(reference.count(0)));
                     break;
                 case 3:
-                    pair.rest(some(house.count(5)), within(0, 1));
+                    pair.rest(some(reference.count(5)), within(0, 1));
                     break;
                 default:
                     pair.worst();
@@ -214,9 +214,9 @@ public final class CompareTest {
     private void putShort() {
         int z = one(2) ? 0 : one(9) ? within(0, 99) : upTo(20);
         if (one(2)) {
-            pair.shortAt(within(0, 3), some(house.count(0)), z);
+            pair.shortAt(within(0, 3), some(reference.count(0)), z);
         } else {
-            pair.shortOn(within(0, 3), some(house.count(2)), within(1, 15), z);
+            pair.shortOn(within(0, 3), some(reference.count(2)), within(1, 15), z);
         }
     }
 
@@ -232,30 +232,30 @@ public final class CompareTest {
                     pair.into(within(0, 2));
                     break;
                 case 1:
-                    pair.voltage(some(house.count(0)), within(0, 4));
+                    pair.voltage(some(reference.count(0)), within(0, 4));
                     break;
                 default:
-                    pair.current(some(house.count(2)), within(0, 1), within(0, 4));
+                    pair.current(some(reference.count(2)), within(0, 1), within(0, 4));
                     break;
             }
         }
     }
 
     private void relays() {
-        if (one(3) || house.count(6) == 0) {
-            pair.relay(some(house.count(2)), within(0, 1), some(house.count(1)), within(0, 1));
+        if (one(3) || reference.count(6) == 0) {
+            pair.relay(some(reference.count(2)), within(0, 1), some(reference.count(1)), within(0, 1));
         }
         for (int i = upTo(2); i >= 0; i--) {
             int setting = one(30) ? upTo(1) * 100000 : one(2) ? upTo(60) : upTo(800);
             int delay = one(30) ? -1 + 10000001 * upTo(1) : upTo(2) * upTo(80);
-            pair.row(some(house.count(6)), setting, delay);
+            pair.row(some(reference.count(6)), setting, delay);
         }
         if (one(4)) {
-            pair.fails(some(house.count(1)), !one(3));
+            pair.fails(some(reference.count(1)), !one(3));
             pair.backup(one(10) ? -1 + 10000001 * upTo(1) : upTo(100));
         }
         for (int i = 0; i < 3; i++) {
-            pair.met(some(house.count(6)), upTo(3));
+            pair.met(some(reference.count(6)), upTo(3));
         }
     }
 
@@ -269,7 +269,7 @@ public final class CompareTest {
             time += one(20) ? -5 : one(6) ? 0 : upTo(100);
             pair.run(time);
             pair.opened(upTo(5) - 1, within(0, 1));
-            pair.ordered(some(house.count(1)));
+            pair.ordered(some(reference.count(1)));
         }
         if (one(3)) {
             pair.run(Integer.MAX_VALUE);
@@ -283,9 +283,9 @@ public final class CompareTest {
     private void dispatches() {
         pair.dispatch();
         pair.cost();
-        pair.sets(some(house.count(3)));
-        pair.sets(some(house.count(3)));
-        pair.price(some(house.count(0)));
+        pair.sets(some(reference.count(3)));
+        pair.sets(some(reference.count(3)));
+        pair.price(some(reference.count(0)));
     }
 
     private void orders() {

@@ -385,11 +385,11 @@ public final class DispatchBoundsTest {
         Check.is("below all LO", x.dispatch(), 0);
         // each load with the machine that gives the last of it: 4 more each, the last one first; then 5 each
         for (int load = 6; load <= 60; load++) {
-            x.set(4, 0, 0, load);
+            GridHouse y = Check.house(t + "load p a " + load + ";");
             for (int m = 0; m < 6; m++) {
                 int low = Math.max(0, Math.min(4, load - 6 - 4 * (5 - m)));
                 int high = Math.max(0, Math.min(5, load - 30 - 5 * (5 - m)));
-                Check.makes("sets with " + load, x, x.sets(m), 1, 1 + low + high + "/1");
+                Check.makes("sets with " + load, y, y.sets(m), 1, 1 + low + high + "/1");
             }
         }
         x.set(4, 0, 0, 61);

@@ -20,6 +20,13 @@ public final class FaceTest {
             + "int current 3 I A|int relay 4 I A S|int row 3 I A S|boolean fails 2 I|int backup 1 A|boolean met 2 I|"
             + "int begin 0 S|int run 1 S A|int opened 2|boolean ordered 1|int dispatch 0|int cost 0 S|int sets 1 I S|"
             + "int price 1 I S|int barred 1 A|int carry 0|int restore 1 A|int step 1";
+    private static final String[] FORBIDDEN = {"package ", "::", "synchronized", "assert ", "finally", "Exact(", "native ",
+        "strictfp", "volatile ", "transient ", "System.out", "System.in", "System.err", "currentTime", "nanoTime", "Random",
+        "Thread", "getMessage", "hashCode", "static {", "Objects.", "java.io", "java.nio", "java.net"};
+    private static final String[] MACHINE = {"ArrayIndexOutOfBoundsException", "NullPointerException", "ClassCastException",
+        "NegativeArraySizeException", "ArrayStoreException", "Exception", "Throwable", "Error"};
+    private static final String[] SHUNNED = {"import ", "->", "catch", "try ", "instanceof", "java.", "Object ", "double",
+        "float", "toString", "Integer.numberOf", "\"\" +", "+ \"\"", "RuntimeException", "ArithmeticException"};
     private static int wrong;
 
     private FaceTest() {
@@ -47,6 +54,9 @@ public final class FaceTest {
             due.put(line.split(" ")[1], line);
         }
         for (Method m : GridHouse.class.getDeclaredMethods()) {
+            if (m.isSynthetic()) {
+                continue;
+            }
             if (Modifier.isPrivate(m.getModifiers())) {
                 say(!due.containsKey(m.getName()), "a private method bears a public name: " + m.getName());
                 continue;
@@ -60,11 +70,21 @@ public final class FaceTest {
         }
         say(due.isEmpty(), "missing: " + due.keySet());
         for (Field f : GridHouse.class.getDeclaredFields()) {
-            say(Modifier.isPrivate(f.getModifiers()) || f.getName().equals("NONE"), "a field of the face: " + f.getName());
+            say(f.isSynthetic() || Modifier.isPrivate(f.getModifiers()) || f.getName().equals("NONE"), "a field of the face: " + f.getName());
         }
         say(GridHouse.NONE == -1, "NONE");
         say(Modifier.isFinal(GridHouse.class.getModifiers()), "the class is not final");
         say(GridHouse.class.getConstructors().length == 1, "constructors");
+        for (Class<?> c : GridHouse.class.getDeclaredClasses()) {
+            say(!Modifier.isPublic(c.getModifiers()) && !Modifier.isProtected(c.getModifiers()), "of the face: " + c);
+        }
+        if (Check.isBuiltWith("Solver")) {
+            inside();
+        }
+    }
+
+    /** What this program keeps to within. */
+    private static void inside() {
         say(GridHouse.class.getDeclaredClasses().length <= 12, "more than twelve classes");
         for (Class<?> c : GridHouse.class.getDeclaredClasses()) {
             say(Modifier.isPrivate(c.getModifiers()) && Modifier.isStatic(c.getModifiers()), "not private: " + c);
@@ -80,21 +100,32 @@ public final class FaceTest {
 
     private static void source() throws IOException {
         String s = Files.readString(Path.of("src/main/java/GridHouse.java"), StandardCharsets.ISO_8859_1);
+        String code = s.replaceAll("(?s)/\\*.*?\\*/", " ").replaceAll("//[^\n]*", " ").replaceAll("\"[^\"\n]*\"", "\"\"");
+        for (String no : FORBIDDEN) {
+            say(!code.contains(no), "not of the language: " + no);
+        }
+        TreeSet<String> named = new TreeSet<>();
+        for (String part : code.split("throw new ")) {
+            named.add(part.replaceAll("(?s)\\W.*", ""));
+        }
+        for (String part : code.split("catch \\(")) {
+            named.add(part.replaceAll("(?s)\\W.*", ""));
+        }
+        named.retainAll(Arrays.asList(MACHINE));
+        say(named.isEmpty(), "thrown or caught: " + named);
+        if (Check.isBuiltWith("Solver")) {
+            ownSource(s, code);
+        }
+    }
+
+    /** What this program does without, though the language has it, and how it is written. */
+    private static void ownSource(String s, String code) {
         for (int i = 0; i < s.length(); i++) {
             say(s.charAt(i) == '\n' || s.charAt(i) >= 32 && s.charAt(i) < 127, "a sign beyond 127 at " + i);
         }
-        String code = s.replaceAll("(?s)/\\*.*?\\*/", " ").replaceAll("//[^\n]*", " ").replaceAll("\"[^\"\n]*\"", "\"\"");
-        for (String no : new String[] {"import ", "package ", "->", "::", "synchronized", "assert ", "finally", "Exact",
-            "catch", "try ", "instanceof", "native", "strictfp", "volatile", "transient", "java.", "System.out", "Object ", "Objects.",
-            "double", "float", "hashCode", "toString", "Integer.numberOf", "\"\" +", "+ \"\""}) {
-            say(!code.contains(no), "not of the language: " + no);
+        for (String no : SHUNNED) {
+            say(!code.contains(no), "not needed by the program: " + no);
         }
-        TreeSet<String> thrown = new TreeSet<>();
-        for (String part : code.split("throw new ")) {
-            thrown.add(part.replaceAll("(?s)\\W.*", ""));
-        }
-        thrown.retainAll(Arrays.asList("RuntimeException", "ArithmeticException", "NullPointerException"));
-        say(thrown.isEmpty(), "thrown: " + thrown);
         int line = 0;
         for (String l : s.split("\n")) {
             line++;

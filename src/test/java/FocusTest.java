@@ -29,7 +29,7 @@ public final class FocusTest {
         String[] names = {"flows", "estimates", "shorts", "runs", "dispatch", "restore", "orders", "widest"};
         Subject[] subjects = {FocusTest::flows, FocusTest::estimates, FocusTest::shorts, FocusTest::runs,
             FocusTest::dispatches, FocusTest::restores, FocusTest::orders, FocusTest::widest};
-        int[] runs = {60, 60, 60, 80, 80, 60, 60, 12};
+        int[] runs = {60, 60, 90, 80, 80, 60, 60, 32};
         int wrong = 0;
         for (int k = 0; k < subjects.length; k++) {
             for (int i = 0; i < runs[k] * times && wrong < 3 && names[k].startsWith(only); i++) {
@@ -394,10 +394,33 @@ public final class FocusTest {
             load(upTo(bars - 1), 3000 + upTo(1900));
         }
         tell();
+        switch (upTo(3)) {
+            case 0:
+                widestFlows();
+                break;
+            case 1:
+                widestEstimates();
+                break;
+            case 2:
+                widestShorts();
+                break;
+            default:
+                widestDispatch();
+                break;
+        }
+    }
+
+    private void widestFlows() {
         pair.screen();
         for (int b = 0; b < bars; b++) {
             pair.angle(b);
         }
+        for (int l = 0; l < 20; l += 3) {
+            pair.carries(l);
+        }
+    }
+
+    private void widestEstimates() {
         for (int i = 0; i < 32; i++) {
             int kind = upTo(2);
             pair.meter(kind, upTo(kind == 0 ? 19 : bars - 1), 99999 - upTo(5000), 99 - upTo(3));
@@ -406,20 +429,32 @@ public final class FocusTest {
         pair.estimate(bars - 1);
         pair.rest(5, 0);
         pair.rest(7, 1);
-        for (int kind = 0; kind < 4; kind++) {
-            pair.shortOn(kind, upTo(19), 7 + upTo(2), 97);
-            for (int s = 0; s < 5; s++) {
-                pair.into(Math.min(s, 2));
-                pair.voltage(upTo(bars - 1), s);
-                pair.current(upTo(19), upTo(1), s);
-            }
-            pair.relay(upTo(19), 1, 0, 1);
-        }
+        pair.strike(5, true);
+        pair.worst();
+        pair.rest(5, 0);
+    }
+
+    private void widestShorts() {
+        int kind = upTo(3);
+        pair.shortOn(kind, upTo(19), 7 + upTo(2), 97);
+        pair.into(upTo(2));
+        pair.voltage(upTo(bars - 1), 3 + upTo(1));
+        pair.current(upTo(19), upTo(1), 3 + upTo(1));
+        pair.voltage(upTo(bars - 1), upTo(2));
+        pair.current(upTo(19), upTo(1), upTo(2));
+        pair.relay(upTo(19), upTo(1), 0, 1);
+        pair.row(0, upTo(200), 1);
+        pair.row(0, upTo(2000), 1);
+        pair.begin();
+    }
+
+    private void widestDispatch() {
         int limit = 1000 + upTo(2000);
         for (int l = 0; l < 20; l++) {
             pair.set(2, l, 3, l < 6 ? limit : 9999);
         }
         pair.cost();
         pair.sets(2);
+        pair.price(upTo(bars - 1));
     }
 }

@@ -1,5 +1,3 @@
-import java.math.BigInteger;
-
 /** GridHouse and the Reference side by side: each call is made on both, and the answers are to be alike. */
 final class Pair {
     interface Call {
@@ -10,10 +8,17 @@ final class Pair {
         void go();
     }
 
+    static final int CALLS = 512;
+    /** Of a long number so many figures at both ends are looked at, and every STEPth one. */
+    private static final int ENDS = 4;
+    private static final int STEP = 13;
+
     final GridHouse house = new GridHouse();
     final Reference reference = new Reference();
     final StringBuilder log = new StringBuilder();
     boolean same = true;
+    /** How many calls the object was used for: what it answers behind its last one is free. */
+    int calls;
 
     /** What a call answers; what it throws as a number far below all answers. */
     static long guarded(Call c) {
@@ -34,7 +39,17 @@ final class Pair {
         return v >= Long.MIN_VALUE + 10 ? "" + v : "throws " + (v - Long.MIN_VALUE);
     }
 
+    /** Whether there are so many calls left. */
+    boolean hasRoom(int more) {
+        return calls + more <= CALLS;
+    }
+
+    /** The answer of both; 0 without a call, if the object has had all its calls. */
     long both(String what, Call mine, Call theirs) {
+        if (!hasRoom(1)) {
+            return 0;
+        }
+        calls++;
         long a = guarded(mine);
         long b = guarded(theirs);
         log.append(what).append(" -> ").append(told(a)).append('\n');
@@ -55,21 +70,23 @@ final class Pair {
         });
     }
 
-    /** Compares the numbers in hand figure by figure. */
+    /** Compares the numbers in hand: how long they are, and their figures. */
     void hands() {
-        BigInteger[] parts = new BigInteger[2];
-        for (int part = 0; part < 2; part++) {
-            StringBuilder t = new StringBuilder();
-            for (int i = house.figures(part) - 1; i >= 0; i--) {
-                t.append(house.figure(part, i));
-            }
-            parts[part] = new BigInteger(t.toString());
-        }
         Fraction f = reference.inHand();
-        log.append("   in hand ").append(parts[0]).append('/').append(parts[1]).append('\n');
-        if (!parts[0].equals(f.above.abs()) || !parts[1].equals(f.below)) {
-            same = false;
-            log.append("   the reference: ").append(f).append('\n');
+        log.append("   in hand, by the reference, ").append(f).append('\n');
+        hand(0, f.above.abs().toString());
+        hand(1, f.below.toString());
+    }
+
+    private void hand(int part, String due) {
+        int length = due.length();
+        int turn = calls % STEP;
+        both("figures " + part, () -> house.figures(part), () -> length);
+        for (int i = 0; i < length; i++) {
+            if (i < ENDS || i >= length - ENDS || i % STEP == turn) {
+                int k = i;
+                both("figure " + part + " " + i, () -> house.figure(part, k), () -> due.charAt(length - 1 - k) - '0');
+            }
         }
     }
 
@@ -81,7 +98,7 @@ final class Pair {
     /** Feeds a text; with exactly, the spaces that fill its last twenty bytes are cut. */
     void feed(String text, boolean exactly) {
         log.append("text ").append(text.replace("\n", "\\n")).append('\n');
-        int before = house.count(9);
+        int before = reference.count(9);
         int at = 0;
         while (at < text.length()) {
             int[] v = new int[5];

@@ -9,15 +9,11 @@ public final class RefusalTest {
             + "switch u a d open 30;line l b c 2 6 3;line k c d 1 5 9;machine g a 2 3 1 9 1 4 2 1;"
             + "machine h d 1 2 0 5 3 3 3 0;load p c 4;load q e 7;";
 
-    interface Maker {
-        GridHouse make();
-    }
-
     interface Act {
         void on(GridHouse x);
     }
 
-    private static Maker maker;
+    private static Told.Maker maker;
     private static String untouched = "";
 
     private RefusalTest() {
@@ -34,6 +30,8 @@ public final class RefusalTest {
         shorts();
         relays();
         orders();
+        on(() -> fullTape());
+        tooLong();
         on(() -> full());
         tooMany();
         on(() -> Check.house(NET));
@@ -46,15 +44,31 @@ public final class RefusalTest {
     }
 
     /** What the calls behind this are refused by. */
-    private static void on(Maker next) {
+    private static void on(Told.Maker next) {
         maker = next;
-        untouched = Told.of(next.make());
+        untouched = Told.of(next);
+    }
+
+    /** What is told behind a call. */
+    private static String toldBehind(Act act) {
+        return Told.of(() -> {
+            GridHouse x = maker.make();
+            act.on(x);
+            return x;
+        });
+    }
+
+    private static void tryOn(GridHouse x, Act act) {
+        Pair.guarded(() -> {
+            act.on(x);
+            return 0;
+        });
     }
 
     private static void refuse(String what, String due, Act act) {
         GridHouse x = maker.make();
         Check.refuses(what, due, () -> act.on(x));
-        Check.is(what + " leaves all as it was", Told.of(x).equals(untouched), true);
+        Check.is(what + " leaves all as it was", toldBehind(y -> tryOn(y, act)).equals(untouched), true);
     }
 
     /** All that an object can hold: meters, a run under way, kept nets, an order, rules, a row found, a number. */
@@ -87,9 +101,7 @@ public final class RefusalTest {
     }
 
     private static void change(String what, Act act) {
-        GridHouse x = maker.make();
-        act.on(x);
-        Check.is(what + " is seen to change something", Told.of(x).equals(untouched), false);
+        Check.is(what + " is seen to change something", toldBehind(act).equals(untouched), false);
     }
 
     /** That the twin would show it, if a call changed something. */
@@ -118,10 +130,11 @@ public final class RefusalTest {
     }
 
     private static void ask(String what, Act act) {
-        GridHouse x = maker.make();
-        act.on(x);
-        x.angle(2);
-        Check.is(what + " leaves all but the number in hand", Told.of(x).equals(untouched), true);
+        String told = toldBehind(x -> {
+            act.on(x);
+            x.angle(2);
+        });
+        Check.is(what + " leaves all but the number in hand", told.equals(untouched), true);
     }
 
     /** Calls that only ask: the run goes on, and all else stays; the number in hand is made anew as it was. */
@@ -374,7 +387,20 @@ public final class RefusalTest {
         refuse("price in a dead island", Check.STATE, x -> x.price(4));
     }
 
-    /** As many meters, relays, rows and bytes as there can be. */
+    private static GridHouse fullTape() {
+        GridHouse x = Check.house("bar a;load p a 1;");
+        for (int i = 0; i < 200; i++) {
+            x.feed(0x62617220 + i, 2, 3, 4, 5);
+        }
+        return x;
+    }
+
+    private static void tooLong() {
+        refuse("feed to 4020", Check.STATE, x -> x.feed(0, 0, 0, 0, 0));
+        refuse("end at 4001", Check.ARGUMENT, x -> x.end(4001));
+    }
+
+    /** As many meters, relays and rows as there can be. */
     private static GridHouse full() {
         GridHouse x = busy();
         while (x.count(5) < 32) {
@@ -387,16 +413,10 @@ public final class RefusalTest {
         x.row(0, 2, 2);
         x.begin();
         x.run(4);
-        x.end(0);
-        for (int i = 0; i < 200; i++) {
-            x.feed(0x62617220 + i, 2, 3, 4, 5);
-        }
         return x;
     }
 
     private static void tooMany() {
-        refuse("feed to 4020", Check.STATE, x -> x.feed(0, 0, 0, 0, 0));
-        refuse("end at 4001", Check.ARGUMENT, x -> x.end(4001));
         refuse("the 33rd meter", Check.STATE, x -> x.meter(0, 0, 0, 1));
         refuse("the 33rd meter, v", Check.ARGUMENT, x -> x.meter(0, 0, 100000, 1));
         refuse("the 33rd meter, w", Check.ARGUMENT, x -> x.meter(0, 0, 0, 0));

@@ -409,28 +409,48 @@ public final class TextBoundsTest {
             Check.is("net", Check.net(x, text) < 0, true);
             Check.sentence("THE TAPE is empty then");
             Check.is("the tape", x.count(9), 0);
-            Check.is("all is as it was", Told.of(x).equals(Told.of(filled())), true);
+            String told = Told.of(() -> {
+                GridHouse y = filled();
+                Check.net(y, text);
+                return y;
+            });
+            Check.is("all is as it was", told.equals(Told.of(() -> filled())), true);
         }
         for (String text : new String[] {"no", "no close if lost is 11;no", "x", "no close if lost is 11;;"}) {
             Check.sentence("Promise 5: with a FAULT -1 less it, and they stay");
             GridHouse x = filled();
             Check.is("rules", Check.rules(x, text) < 0, true);
             Check.is("the tape", x.count(9), 0);
-            Check.is("all is as it was", Told.of(x).equals(Told.of(filled())), true);
+            String told = Told.of(() -> {
+                GridHouse y = filled();
+                Check.rules(y, text);
+                return y;
+            });
+            Check.is("all is as it was", told.equals(Told.of(() -> filled())), true);
         }
         for (String text : new String[] {"open", "tag s;open", "x", "tag s;;", "tag s;tag a;"}) {
             Check.sentence("Promise 6: likewise");
             GridHouse x = filled();
             Check.is("order", Check.order(x, text) < 0, true);
             Check.is("the tape", x.count(9), 0);
-            Check.is("all is as it was", Told.of(x).equals(Told.of(filled())), true);
+            String told = Told.of(() -> {
+                GridHouse y = filled();
+                Check.order(y, text);
+                return y;
+            });
+            Check.is("all is as it was", told.equals(Told.of(() -> filled())), true);
         }
         for (String text : new String[] {"a", "nothing", " ", "", "aaaaaaaaaaaaaaaaaaaaaaaaaaaaa"}) {
             Check.sentence("Promise 7: find() changes nothing but the tape");
             GridHouse x = filled();
             Check.find(x, text);
             Check.is("the tape", x.count(9), 0);
-            Check.is("all is as it was", Told.of(x).equals(Told.of(filled())), true);
+            String told = Told.of(() -> {
+                GridHouse y = filled();
+                Check.find(y, text);
+                return y;
+            });
+            Check.is("all is as it was", told.equals(Told.of(() -> filled())), true);
         }
     }
 
@@ -439,10 +459,13 @@ public final class TextBoundsTest {
         Check.sentence("Promise 4: meters, relays, rules, the order, kept nets go, too, and the SHORT; BACK is 100000");
         String text = "bar a;bar b;switch s a b closed 10;line l a b 1 1 3;machine g a 2 3 5 200 3 100 7 1;load p b 5;";
         for (String other : new String[] {text, "", "bar z;"}) {
-            GridHouse x = filled();
-            x.angle(0);
-            Check.is("net", Check.net(x, other) >= 0, true);
-            Check.is("as a new one", Told.of(x).equals(Told.of(Check.house(other))), true);
+            String told = Told.of(() -> {
+                GridHouse y = filled();
+                y.angle(0);
+                Check.is("net", Check.net(y, other) >= 0, true);
+                return y;
+            });
+            Check.is("as a new one", told.equals(Told.of(() -> Check.house(other))), true);
         }
         GridHouse x = filled();
         x.angle(2);
@@ -469,12 +492,13 @@ public final class TextBoundsTest {
             }
         }
         String small = "bar a;bar b;bar c;switch x a b open 1;line y a b 1 1 1;machine z a 1 1 1 1 1 1 1 1;load w a 1;";
-        GridHouse x = Check.house(t.toString());
-        x.net();
-        Check.is("find in a net without objects", Check.find(x, "b2"), -1);
-        Check.is("net", Check.net(x, t.toString()), 16);
-        Check.is("net", Check.net(x, small), 3);
+        GridHouse z = Check.house(t.toString());
+        z.net();
+        Check.is("find in a net without objects", Check.find(z, "b2"), -1);
+        Check.is("net", Check.net(z, t.toString()), 16);
         for (int sort = 0; sort < 5; sort++) {
+            GridHouse x = Check.house(t.toString());
+            Check.is("net", Check.net(x, small), 3);
             for (int i = sort == 0 ? 2 : 0; i < MOST[sort]; i++) {
                 Check.is("find an old name", Check.find(x, "" + "bslmo".charAt(sort) + i), -1);
             }
@@ -483,6 +507,8 @@ public final class TextBoundsTest {
             Check.is("name", x.name(sort, count, 0), -1);
             Check.refuses("get", Check.INDEX, () -> x.get(old, count, 0));
         }
+        GridHouse x = Check.house(t.toString());
+        Check.is("net", Check.net(x, small), 3);
         Check.is("an old switch", Check.order(x, "open s1;"), -6);
         Check.is("an old bar", Check.order(x, "earth b3;"), -7);
         Check.is("an old switch", Check.rules(x, "no tag if closed s1;"), -18);
@@ -490,8 +516,12 @@ public final class TextBoundsTest {
         Check.is("an old bar", Check.net(x, "bar a;load p b3 1;"), -14);
         Check.is("an old bar", Check.net(x, "bar a;bar b;bar c;bar d;load p b4 1;"), -32);
         Check.is("an old bar's name is free", Check.net(x, "bar b2;bar b3;load s1 b3 1;load w b2 7;"), 2);
-        Check.is("net", Check.net(x, small), 3);
-        Check.is("as if there had been none", Told.of(x).equals(Told.of(Check.house(small))), true);
+        String told = Told.of(() -> {
+            GridHouse y = Check.house(t.toString());
+            Check.is("net", Check.net(y, small), 3);
+            return y;
+        });
+        Check.is("as if there had been none", told.equals(Told.of(() -> Check.house(small))), true);
         GridHouse y = Check.house(t.toString());
         Check.net(y, small);
         Check.is("nodes", y.count(10), 3);
@@ -557,17 +587,19 @@ public final class TextBoundsTest {
 
     private static void finds() {
         Check.sentence("Promise 7: THE TAPE, wholly, is the name of an object: 100 times its sort, and its number; NONE");
-        GridHouse x = Check.house(TWO + "bar abcdefgh;bar abc;switch s a b open 1;switch t a b open 1;line l a b 1 1 1;"
-                + "machine g a 1 1 1 1 1 1 1 1;machine h a 1 1 1 1 1 1 1 1;load p a 1;load q a 1;load r a 1;");
+        String net = TWO + "bar abcdefgh;bar abc;switch s a b open 1;switch t a b open 1;line l a b 1 1 1;"
+                + "machine g a 1 1 1 1 1 1 1 1;machine h a 1 1 1 1 1 1 1 1;load p a 1;load q a 1;load r a 1;";
         String[] names = {"a", "b", "abcdefgh", "abc", "s", "t", "l", "g", "h", "p", "q", "r"};
         int[] due = {0, 1, 2, 3, 100, 101, 200, 300, 301, 400, 401, 402};
         for (int i = 0; i < names.length; i++) {
+            GridHouse x = Check.house(net);
             Check.is("find " + names[i], Check.find(x, names[i]), due[i]);
             for (String sign : new String[] {" ", "\n", ";", "\0", "x", "1", "\u00ff"}) {
                 Check.is("find a sign behind", Check.find(x, names[i] + sign), -1);
                 Check.is("find a sign ahead", Check.find(x, sign + names[i]), -1);
             }
         }
+        GridHouse x = Check.house(net);
         for (String none : new String[] {"", " ", "\0", "ab", "abcdefg", "abcdefghi", "aa", "a b", "A", "bar", "it", "1",
             "abcdefghabcdefgh", "\0\0\0\0\0\0\0a", "\0\0\0\0\0\0\0\0a", "\u00ff\u00ff\u00ff\u00ff\u00ff\u00ff\u00ff\u00ff"}) {
             Check.is("find " + none, Check.find(x, none), -1);

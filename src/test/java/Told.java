@@ -1,27 +1,45 @@
-/** All that an object tells, as one text: objects that are alike tell alike. The object is used up by it. */
+/**
+ * All that an object tells, as one text: objects that are alike tell alike. It is asked of several objects made in the
+ * same way, for each is used up by what is asked of it, and has 512 calls.
+ */
 final class Told {
-    private final GridHouse x;
-    private final StringBuilder text = new StringBuilder();
-
-    private Told(GridHouse x) {
-        this.x = x;
+    interface Maker {
+        GridHouse make();
     }
 
-    static String of(GridHouse x) {
-        Told t = new Told(x);
+    private static final int[] WIDTH = {1, 5, 6, 11, 2};
+
+    private final GridHouse x;
+    private final StringBuilder text;
+
+    private Told(GridHouse x, StringBuilder text) {
+        this.x = x;
+        this.text = text;
+    }
+
+    static String of(Maker maker) {
+        StringBuilder text = new StringBuilder();
+        Told t = new Told(maker.make(), text);
         t.hand();
-        t.run();
-        t.counts();
         t.fields();
-        t.flows();
-        t.meters();
-        t.shorts();
-        t.dispatch();
-        t.orders();
-        t.kept();
+        t.names();
         t.marks();
         t.tape();
-        return t.text.toString();
+        t = new Told(maker.make(), text);
+        t.run();
+        t = new Told(maker.make(), text);
+        t.counts();
+        t.meters();
+        t.orders();
+        t = new Told(maker.make(), text);
+        t.flows();
+        t.shorts();
+        t.dispatch();
+        for (int k = 0; k < 3; k++) {
+            t = new Told(maker.make(), text);
+            t.kept(k);
+        }
+        return text.toString();
     }
 
     private void add(String what, Pair.Call call) {
@@ -31,7 +49,8 @@ final class Told {
     private void hand() {
         for (int part = 0; part < 2; part++) {
             int p = part;
-            for (int i = 0; i <= x.figures(p); i++) {
+            add("figures " + p, () -> x.figures(p));
+            for (int i = 0; i <= 6; i++) {
                 int k = i;
                 add("figure " + p, () -> x.figure(p, k));
             }
@@ -40,7 +59,12 @@ final class Told {
 
     private void made(String what, Pair.Call call) {
         add(what, call);
-        hand();
+        for (int part = 0; part < 2; part++) {
+            int p = part;
+            add("figures " + p, () -> x.figures(p));
+            add("figure " + p, () -> x.figure(p, 0));
+            add("figure " + p, () -> x.figure(p, 1));
+        }
     }
 
     /** The run as it is, what it still does, and then all that a run begun now does. */
@@ -71,15 +95,26 @@ final class Told {
     }
 
     private void fields() {
-        int[] width = {1, 5, 6, 11, 2};
-        for (int sort = 0; sort < width.length; sort++) {
+        for (int sort = 0; sort < WIDTH.length; sort++) {
             for (int i = 0; i < x.count(sort); i++) {
-                for (int k = 0; k < Math.max(width[sort], 8); k++) {
+                for (int k = 0; k < WIDTH[sort]; k++) {
                     int s = sort;
                     int o = i;
                     int f = k;
-                    add("name " + s + " " + o, () -> x.name(s, o, f));
                     add("get " + s + " " + o, () -> x.get(s, o, f));
+                }
+            }
+        }
+    }
+
+    private void names() {
+        for (int sort = 0; sort < WIDTH.length; sort++) {
+            for (int i = 0; i < x.count(sort); i++) {
+                for (int k = 0; k < 2; k++) {
+                    int s = sort;
+                    int o = i;
+                    int b = k;
+                    add("name " + s + " " + o, () -> x.name(s, o, b));
                 }
             }
         }
@@ -100,12 +135,16 @@ final class Told {
         }
     }
 
+    /** Of many meters the first ones and the last. */
     private void meters() {
-        for (int i = 0; i < x.count(5); i++) {
-            int m = i;
-            made("rest", () -> x.rest(m, 0));
-            made("spread", () -> x.rest(m, 1));
-            add("strike", () -> x.strike(m, false) ? 1 : 0);
+        int count = x.count(5);
+        for (int i = 0; i < count; i++) {
+            if (i < 5 || i == count - 1) {
+                int m = i;
+                made("rest", () -> x.rest(m, 0));
+                made("spread", () -> x.rest(m, 1));
+                add("strike", () -> x.strike(m, false) ? 1 : 0);
+            }
         }
         add("worst", () -> x.worst());
         for (int i = 0; i < x.count(0); i++) {
@@ -152,15 +191,12 @@ final class Told {
         fields();
     }
 
-    private void kept() {
-        for (int k = 0; k < 3; k++) {
-            int i = k;
-            add("back " + k, () -> {
-                x.back(i);
-                return 0;
-            });
-            fields();
-        }
+    private void kept(int k) {
+        add("back " + k, () -> {
+            x.back(k);
+            return 0;
+        });
+        fields();
     }
 
     /** What can be seen by calls that change it only. */
@@ -174,6 +210,7 @@ final class Told {
     }
 
     private void tape() {
+        add("bytes", () -> x.count(9));
         add("net", () -> x.net());
         counts();
     }
