@@ -148,7 +148,8 @@ public final class DispatchBoundsTest {
 
     private static void islands() {
         Check.sentence("so that in each LIVE island these are its loads' MW together");
-        GridHouse x = Check.house("bar a;bar b;bar c;line l b c 1 1 0;machine g a 1 1 0 5 1 9 1 1;machine h b 1 1 2 9 3 9 3 1;"
+        GridHouse x = Check.house("bar a;bar b;bar c;line l b c 1 1 0;machine g a 1 1 0 5 1 9 1 1;"
+                + "machine h b 1 1 2 9 3 9 3 1;"
                 + "load p a 5;load q b 2;load r c 0;");
         Check.is("dispatch", x.dispatch(), 1);
         Check.makes("cost", x, x.cost(), 1, "11/1");
@@ -176,8 +177,10 @@ public final class DispatchBoundsTest {
     }
 
     private static void ties() {
-        Check.sentence("of these with the least p of the first machine that is ON, of these with the least of the second one");
-        GridHouse x = Check.house("bar a;machine g a 1 1 1 9 3 5 3 1;machine h a 1 1 2 9 3 9 9 1;machine i a 1 1 0 9 3 2 3 1;"
+        Check.sentence("of these with the least p of the first machine that is ON, of these with the least of the "
+                + "second one");
+        GridHouse x = Check.house("bar a;machine g a 1 1 1 9 3 5 3 1;machine h a 1 1 2 9 3 9 9 1;"
+                + "machine i a 1 1 0 9 3 2 3 1;"
                 + "load p a 12;");
         String[] due = {"1/1", "2/1", "9/1"};
         for (int m = 0; m < 3; m++) {
@@ -210,7 +213,8 @@ public final class DispatchBoundsTest {
 
     /** Of what g gives to c two thirds go over m and one third over l, of what h gives the other way round. */
     private static final String TIED = "bar a;bar b;bar c;line k a b 1 1 99;line l b c 1 1 99;line m a c 1 1 20;"
-            + "machine g a 1 1 0 100 1 100 1 1;machine h b 1 1 0 100 1 100 1 1;machine i c 1 1 0 0 1 100 1 1;load p c 45;";
+            + "machine g a 1 1 0 100 1 100 1 1;machine h b 1 1 0 100 1 100 1 1;machine i c 1 1 0 0 1 100 1 1;"
+            + "load p c 45;";
 
     private static void given(GridHouse x, String... due) {
         for (int m = 0; m < 3; m++) {
@@ -378,7 +382,8 @@ public final class DispatchBoundsTest {
         Check.sentence("MACHINES (6): all within their bounds, in the order of what they cost");
         StringBuilder t = new StringBuilder("bar a;");
         for (int m = 0; m < 6; m++) {
-            t.append("machine g").append(m).append(" a 1 1 1 10 ").append(6 - m).append(" 5 ").append(16 - m).append(" 1;");
+            t.append("machine g").append(m).append(" a 1 1 1 10 ").append(6 - m);
+            t.append(" 5 ").append(16 - m).append(" 1;");
         }
         GridHouse x = Check.house(t + "load p a 6;");
         x.set(4, 0, 0, 5);

@@ -77,7 +77,8 @@ public final class EstimateBoundsTest {
     }
 
     private static void seen() {
-        Check.sentence("A node is SEEN, if its angle is 0 by all angles by which all meters that are not STRUCK show 0");
+        Check.sentence("A node is SEEN, if its angle is 0 by all angles by which all meters that are not STRUCK "
+                + "show 0");
         GridHouse x = Check.house(NET);
         int[] none = {1, 0, 0, 2};
         for (int b = 0; b < 4; b++) {
@@ -162,7 +163,8 @@ public final class EstimateBoundsTest {
 
     private static void islands() {
         Check.sentence("It is of the island of the line's end 0");
-        GridHouse x = Check.house("bar a;bar b;bar c;bar d;line l a b 1 1 9;line k c d 1 1 9;line m a c 1 1 9;line n c a 1 1 9;");
+        GridHouse x = Check.house("bar a;bar b;bar c;bar d;line l a b 1 1 9;line k c d 1 1 9;line m a c 1 1 9;"
+                + "line n c a 1 1 9;");
         x.set(2, 2, 0, 0);
         x.set(2, 3, 0, 0);
         x.meter(0, 2, 7, 1);
@@ -310,8 +312,9 @@ public final class EstimateBoundsTest {
         // each alone shows 0: REST is v, SPREAD 1 / w, so it is v^2 w
         int[][][] meters = {
             {{5, 4}, {10, 1}, {-10, 1}, {-5, 4}}, {{10, 1}, {5, 4}}, {{-10, 1}, {10, 1}}, {{0, 1}, {0, 99}},
-            {{5, 4}, {10, 1}, {101, 1}, {101, 1}}, {{99999, 99}, {-99999, 99}}, {{99998, 99}, {99999, 99}, {-99999, 99}},
-            {{0, 1}, {1, 1}, {-1, 1}}, {{7, 2}, {5, 4}, {10, 1}, {3, 11}}, {{1, 99}, {10, 1}, {-1, 99}}, {{1, 99}, {9, 1}}};
+            {{5, 4}, {10, 1}, {101, 1}, {101, 1}}, {{99999, 99}, {-99999, 99}},
+            {{99998, 99}, {99999, 99}, {-99999, 99}}, {{0, 1}, {1, 1}, {-1, 1}}, {{7, 2}, {5, 4}, {10, 1}, {3, 11}},
+            {{1, 99}, {10, 1}, {-1, 99}}, {{1, 99}, {9, 1}}};
         int[] due = {0, 0, 0, 0, 2, 0, 1, 1, 1, 1, 0};
         for (int i = 0; i < meters.length; i++) {
             GridHouse x = Check.house("bar a;");

@@ -1,6 +1,7 @@
 /** Each boundary that the document names for flows, numbers in hand and the screening: section 2, promises 15 to 21. */
 public final class FlowBoundsTest {
-    private static final String PAIR = "bar a;bar b;line l a b 2 1 5;machine g a 1 1 0 99 1 1 1 0;machine h b 1 1 0 99 1 1 1 9;"
+    private static final String PAIR = "bar a;bar b;line l a b 2 1 5;machine g a 1 1 0 99 1 1 1 0;"
+            + "machine h b 1 1 0 99 1 1 1 9;"
             + "load p b 0;";
 
     private FlowBoundsTest() {
@@ -93,7 +94,8 @@ public final class FlowBoundsTest {
 
     private static void over() {
         Check.sentence("A line is OVER, if what it carries, without sign, is above its LIMIT");
-        GridHouse x = Check.house("bar a;bar b;line l a b 2 1 5;line k b a 2 1 5;machine g a 1 1 0 99 1 1 1 1;load p b 0;");
+        GridHouse x = Check.house("bar a;bar b;line l a b 2 1 5;line k b a 2 1 5;machine g a 1 1 0 99 1 1 1 1;"
+                + "load p b 0;");
         for (int line = 0; line < 2; line++) {
             x.set(2, 1 - line, 0, 0);
             x.set(2, line, 0, 1);
@@ -124,7 +126,8 @@ public final class FlowBoundsTest {
 
     private static void fractionsOver() {
         Check.sentence("A line is OVER, if what it carries, without sign, is above its LIMIT: 10/3 and 5/3");
-        GridHouse x = Check.house("bar a;bar b;line l a b 1 1 3;line k b a 2 1 1;machine g a 1 1 0 99 1 1 1 1;load p b 5;");
+        GridHouse x = Check.house("bar a;bar b;line l a b 1 1 3;line k b a 2 1 1;machine g a 1 1 0 99 1 1 1 1;"
+                + "load p b 5;");
         Check.makes("carries", x, x.carries(0), 1, "10/3");
         Check.makes("carries", x, x.carries(1), -1, "5/3");
         Check.is("both", x.count(14), 2);
@@ -167,7 +170,8 @@ public final class FlowBoundsTest {
 
     private static void hand() {
         Check.sentence("NUMBERS IN HAND: 0 at first; answers its sign: -1, 0, 1");
-        GridHouse x = Check.house("bar a;bar b;line l a b 4 1 5;line k b a 4 1 5;machine g a 1 1 0 99 1 1 1 1;load p b 6;");
+        GridHouse x = Check.house("bar a;bar b;line l a b 4 1 5;line k b a 4 1 5;machine g a 1 1 0 99 1 1 1 1;"
+                + "load p b 6;");
         Check.inHand("at first", x, "0/1");
         Check.makes("1", x, x.carries(0), 1, "3/1");
         Check.makes("-1", x, x.carries(1), -1, "3/1");
@@ -196,7 +200,8 @@ public final class FlowBoundsTest {
             for (int i = 0; i < due[part].length; i++) {
                 Check.is("figure " + i, x.figure(part, i), due[part][i]);
             }
-            for (int i : new int[] {-1, due[part].length, 899, 900, 901, 1 << 30, Integer.MIN_VALUE, Integer.MAX_VALUE}) {
+            for (int i : new int[] {-1, due[part].length, 899, 900, 901, 1 << 30, Integer.MIN_VALUE,
+                    Integer.MAX_VALUE}) {
                 Check.is("figure " + i, x.figure(part, i), -1);
             }
         }
@@ -235,7 +240,8 @@ public final class FlowBoundsTest {
 
     private static void screened() {
         Check.sentence("SCREENED is each line that is IN and in a LIVE island");
-        String text = "bar a;bar b;bar c;bar d;switch s a b closed 1;line l a b 1 1 9;line k b c 1 1 9;line m c d 1 1 9;"
+        String text = "bar a;bar b;bar c;bar d;switch s a b closed 1;line l a b 1 1 9;line k b c 1 1 9;"
+                + "line m c d 1 1 9;"
                 + "machine g a 1 1 0 99 1 1 1 1;load p c 3;load q d 4;";
         GridHouse x = Check.house(text);
         Check.is("both lines that lead on", x.screen(), 2);
@@ -317,7 +323,8 @@ public final class FlowBoundsTest {
     private static void overMore() {
         Check.sentence("3, if more lines are OVER than now");
         // each carries 5; without the other 10
-        GridHouse x = Check.house("bar a;bar b;line k a b 1 1 9;line l a b 1 1 9;machine g a 1 1 0 99 1 1 1 1;load p b 10;");
+        GridHouse x = Check.house("bar a;bar b;line k a b 1 1 9;line l a b 1 1 9;machine g a 1 1 0 99 1 1 1 1;"
+                + "load p b 10;");
         Check.is("both", x.screen(), 2);
         trouble(x, 0, 0, 3, 0, 1);
         trouble(x, 1, 1, 3, 0, 1);
@@ -358,14 +365,15 @@ public final class FlowBoundsTest {
 
     /** A row of all sixteen bars, the first five lines twice; machines at the first bar, loads at the last. */
     private static void greatestNet() {
-        Check.sentence("BARS (16 at most), SWITCHES (24), LINES (20), MACHINES (6), LOADS (12): all count in what is asked");
+        Check.sentence("BARS (16 at most), SWITCHES (24), LINES (20), MACHINES (6), LOADS (12): all count in what "
+                + "is asked");
         StringBuilder t = new StringBuilder();
         for (int b = 0; b < 16; b++) {
             t.append("bar b").append(b).append(";");
         }
         for (int s = 0; s < 24; s++) {
-            t.append("switch s").append(s).append(" b").append(s % 16).append(" b15".equals(" b" + s % 16) ? " b0" : " b15")
-                    .append(" open 1;");
+            t.append("switch s").append(s).append(" b").append(s % 16).append(s % 16 == 15 ? " b0" : " b15");
+            t.append(" open 1;");
         }
         for (int l = 0; l < 20; l++) {
             int i = l % 15;

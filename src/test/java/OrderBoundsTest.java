@@ -1,4 +1,4 @@
-/** Each boundary that the document names for rules, orders and bringing load back: section 7, promises 5, 6, 47 to 50. */
+/** Each boundary that the document names for rules, orders and restoring: section 7, promises 5, 6, 47 to 50. */
 public final class OrderBoundsTest {
     private static final String NET = "bar a;bar b;bar c;switch s a b open 1;switch t b c closed 1;line l a c 1 1 3;"
             + "machine g a 1 1 0 9 1 1 1 1;load p c 3;";
@@ -102,11 +102,12 @@ public final class OrderBoundsTest {
         for (String act : new String[] {"open", "close", "earth", "free", "tag", "untag"}) {
             rule("no " + act + " if lost is 1;", 1);
         }
-        for (String none : new String[] {"opens", "closed", "earthed", "tagged", "live", "s", "a", "it", "if", "no", "1", "not"}) {
+        for (String none : new String[] {"opens", "closed", "earthed", "tagged", "live", "s", "a", "it", "if", "no",
+                "1", "not"}) {
             rule("no " + none + " if lost is 1;", -4);
         }
-        for (String pred : new String[] {"open", "close", "earth", "free", "tag", "s", "a", "it", "if", "no", "is", "above",
-            "and", "or", "bar", "1", ";", ")", "from"}) {
+        for (String pred : new String[] {"open", "close", "earth", "free", "tag", "s", "a", "it", "if", "no", "is",
+            "above", "and", "or", "bar", "1", ";", ")", "from"}) {
             rule("no tag if " + pred + " s;", -11);
             rule("no tag if not " + pred + " s;", -15);
             rule("no tag if then " + pred + " s;", -16);
@@ -161,7 +162,8 @@ public final class OrderBoundsTest {
     }
 
     private static void objects() {
-        Check.sentence("W: the name of such an object, or it, or, of a switch, from and to; W must be of the sort that is told");
+        Check.sentence("W: the name of such an object, or it, or, of a switch, from and to;"
+                + " W must be of the sort that is told");
         String[] acts = {"open", "close", "tag", "untag", "earth", "free"};
         String[] preds = {"closed", "tagged", "live", "earthed"};
         String[] words = {"s", "a", "it", "from", "to", "l", "g", "p", "q", "bar", "1", "is", ";", "("};
@@ -282,7 +284,8 @@ public final class OrderBoundsTest {
     }
 
     private static void loops() {
-        Check.sentence("how many more closed switches and lines that are IN there are than are needed to join what they join");
+        Check.sentence("how many more closed switches and lines that are IN there are than are needed to join what "
+                + "they join");
         Told.Maker x = made(NET);
         compare(x, "loops", 0);
         compare(x, "then loops", 1);
@@ -466,9 +469,11 @@ public final class OrderBoundsTest {
     }
 
     private static void firstRules() {
-        Check.sentence("Promise 47: NONE, if none is BARRED; else the first one that is; the first rule by which it is");
+        Check.sentence("Promise 47: NONE, if none is BARRED; else the first one that is;"
+                + " the first rule by which it is");
         GridHouse x = Check.house(NET);
-        Check.rules(x, "no tag if lost is 1;no tag if lost is 0 and tagged t;no untag if lost is 0;no tag if lost is 0;");
+        Check.rules(x, "no tag if lost is 1;no tag if lost is 0 and tagged t;no untag if lost is 0;"
+                + "no tag if lost is 0;");
         Check.order(x, "tag s;");
         Check.is("step", x.barred(0), 0);
         Check.is("rule", x.barred(1), 3);
@@ -658,7 +663,8 @@ public final class OrderBoundsTest {
     }
 
     private static void best() {
-        Check.sentence("with which the least is LOST in the end; of these the shortest; of these the first by the numbers");
+        Check.sentence("with which the least is LOST in the end; of these the shortest;"
+                + " of these the first by the numbers");
         GridHouse x = Check.house(STAR);
         // c and d alike
         x.set(4, 1, 0, 4);
@@ -687,12 +693,14 @@ public final class OrderBoundsTest {
         Check.sentence("PRED is asked of the net ahead of the step, in a row to restore, too");
         GridHouse x = Check.house(STAR + "line l a b 1 1 0;");
         x.set(2, 0, 0, 0);
-        String[] none = {"over is 0", "over below 1", "loops is 0", "lost is 31", "live from", "not live to", "not joined from to"};
+        String[] none = {"over is 0", "over below 1", "loops is 0", "lost is 31", "live from", "not live to",
+                "not joined from to"};
         for (String pred : none) {
             Check.rules(x, "no close if " + pred + ";");
             found(x, 3);
         }
-        String[] all = {"over above 0", "over is 1", "over is 100", "loops above 0", "lost is 0", "live to", "closed it", "tagged it"};
+        String[] all = {"over above 0", "over is 1", "over is 100", "loops above 0", "lost is 0", "live to",
+                "closed it", "tagged it"};
         for (String pred : all) {
             Check.rules(x, "no close if " + pred + ";");
             found(x, 3, 2, 3, 4);
@@ -732,8 +740,9 @@ public final class OrderBoundsTest {
         }
         Check.sentence("With a FAULT they stay");
         Check.is("rules", Check.rules(x, one + "no close if lost is 0;"), 2);
-        for (String wrong : new String[] {"no close if not not", "no open if lost is 0;no", "no close if not (not (lost is 1 and",
-            "no tag if (lost is 1) and (lost is 2", "no close if lost is 1;no close if lost is 2;no close if lost is 3;x"}) {
+        for (String wrong : new String[] {"no close if not not", "no open if lost is 0;no",
+            "no close if not (not (lost is 1 and", "no tag if (lost is 1) and (lost is 2",
+            "no close if lost is 1;no close if lost is 2;no close if lost is 3;x"}) {
             Check.is("rules " + wrong, Check.rules(x, wrong) < 0, true);
             Check.is("they stay", x.count(7), 2);
             Check.is("they stay", x.barred(1), 1);

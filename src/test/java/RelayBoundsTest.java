@@ -7,7 +7,8 @@ public final class RelayBoundsTest {
             + "switch w c f closed 3;line l a c 2 2 1;line k d c 2 2 1;machine g a 2 2 0 9 1 1 1 1;"
             + "machine h e 2 2 0 9 1 1 1 1;";
     /** A row of switches from the machine to the line, v on a side way. */
-    private static final String CHAIN = "bar a;bar b;bar c;bar d;bar e;bar f;switch s a b closed 10;switch t b c closed 5;"
+    private static final String CHAIN = "bar a;bar b;bar c;bar d;bar e;bar f;switch s a b closed 10;"
+            + "switch t b c closed 5;"
             + "switch u c d closed 7;switch v e c closed 8;line l d f 2 2 1;machine g a 2 2 0 9 1 1 1 1;";
 
     private RelayBoundsTest() {
@@ -144,7 +145,8 @@ public final class RelayBoundsTest {
 
     private static void alikeSquares() {
         Check.sentence("of alike ones a's");
-        GridHouse x = Check.house("bar a;bar b;bar c;switch s a b open 1;line l a b 1 6 1;line m a c 1 6 1;line n b c 1 1 1;"
+        GridHouse x = Check.house("bar a;bar b;bar c;switch s a b open 1;line l a b 1 6 1;line m a c 1 6 1;"
+                + "line n b c 1 1 1;"
                 + "machine g a 2 0 0 9 1 1 1 1;machine h b 6 1 0 9 1 1 1 1;");
         x.shortAt(1, 2, 0);
         // I1 and I2 are 1000/39, I0 - 500/39; at a V1, V2 and V0 are 1000 less 9500/39, and - 9500/39
@@ -201,8 +203,8 @@ public final class RelayBoundsTest {
         Check.sentence("Promise 40: all ACTS up to a TIME, which is the RUN's then; time is below the RUN's");
         GridHouse x = again(12);
         x.begin();
-        int[][] due = {{0, 1}, {0, 0}, {4, 0}, {5, 1}, {9, 0}, {10, 1}, {24, 0}, {25, 1}, {36, 0}, {37, 1}, {39, 0}, {40, 1},
-            {40, 0}, {41, 0}, {Integer.MAX_VALUE, 0}, {Integer.MAX_VALUE, 0}};
+        int[][] due = {{0, 1}, {0, 0}, {4, 0}, {5, 1}, {9, 0}, {10, 1}, {24, 0}, {25, 1}, {36, 0}, {37, 1}, {39, 0},
+            {40, 1}, {40, 0}, {41, 0}, {Integer.MAX_VALUE, 0}, {Integer.MAX_VALUE, 0}};
         for (int[] d : due) {
             Check.is("run " + d[0], x.run(d[0]), d[1]);
             Check.refuses("run back", Check.ARGUMENT, () -> x.run(d[0] - 1));
@@ -224,8 +226,10 @@ public final class RelayBoundsTest {
 
     /** When the switch w gets its ORDER, by the delay of its row. */
     private static void again() {
-        Check.sentence("each ROW that is MET and was not is MET SINCE then; one that is not MET any more is so no more");
-        int[][] due = {{0, 0}, {1, 1}, {9, 9}, {10, 35}, {11, 36}, {12, 37}, {15, 40}, {25, 50}, {26, 51}, {9999999, 10000024}};
+        Check.sentence("each ROW that is MET and was not is MET SINCE then;"
+                + " one that is not MET any more is so no more");
+        int[][] due = {{0, 0}, {1, 1}, {9, 9}, {10, 35}, {11, 36}, {12, 37}, {15, 40}, {25, 50}, {26, 51},
+            {9999999, 10000024}};
         for (int[] d : due) {
             GridHouse x = again(d[0]);
             x.begin();
@@ -406,7 +410,8 @@ public final class RelayBoundsTest {
     }
 
     private static void manyOpened() {
-        Check.sentence("Promise 41: switch k (0 the first) that opened (what 0), when (1); NONE: none such, another what");
+        Check.sentence("Promise 41: switch k (0 the first) that opened (what 0), when (1);"
+                + " NONE: none such, another what");
         StringBuilder t = new StringBuilder("bar a;bar b;bar c;");
         for (int s = 0; s < 24; s++) {
             t.append("switch s").append(s).append(" a b closed ").append(100 - s / 2).append(";");

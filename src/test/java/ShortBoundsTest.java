@@ -79,8 +79,8 @@ public final class ShortBoundsTest {
     private static void parts() {
         Check.sentence("on a line, k sixteenths from its end 0, k 1 .. 15");
         GridHouse x = Check.house(NET);
-        String[] one = {"4000/9", "400/1", "4000/11", "1000/3", "4000/13", "2000/7", "800/3", "250/1", "4000/17", "2000/9",
-            "4000/19", "200/1", "4000/21", "2000/11", "4000/23"};
+        String[] one = {"4000/9", "400/1", "4000/11", "1000/3", "4000/13", "2000/7", "800/3", "250/1", "4000/17",
+            "2000/9", "4000/19", "200/1", "4000/21", "2000/11", "4000/23"};
         for (int k = 1; k <= 15; k++) {
             x.shortOn(0, 0, k, 0);
             Check.makes("k " + k, x, x.into(1), 1, one[k - 1]);
@@ -143,7 +143,8 @@ public final class ShortBoundsTest {
             into("12 and 9", x, ALL, "1000/21", "1000/21", "1000/21");
         }
         Check.sentence("nothing to EARTH for a machine with Z 0");
-        GridHouse y = Check.house("bar a;bar b;line l a b 4 8 1;machine g a 2 0 0 9 1 1 1 1;machine h b 6 3 0 9 1 1 1 1;");
+        GridHouse y = Check.house("bar a;bar b;line l a b 4 8 1;machine g a 2 0 0 9 1 1 1 1;"
+                + "machine h b 6 3 0 9 1 1 1 1;");
         // p is 2 beside 10, q is 8 and 3
         y.shortAt(1, 0, 0);
         into("2 5/3 and 11", y, ALL, "3000/43", "3000/43", "3000/43");
@@ -154,7 +155,8 @@ public final class ShortBoundsTest {
     /** Two ways to earth: p is 1 beside 2, q 2 beside 3. */
     private static void meshed() {
         Check.sentence("P1(n) is the potential of node n, if 1 flows in at the PLACE; P0(n) likewise in the ZERO NET");
-        GridHouse x = Check.house("bar a;bar b;line l a b 1 2 1;machine g a 1 1 0 9 1 1 1 1;machine h b 1 2 0 9 1 1 1 1;");
+        GridHouse x = Check.house("bar a;bar b;line l a b 1 2 1;machine g a 1 1 0 9 1 1 1 1;"
+                + "machine h b 1 2 0 9 1 1 1 1;");
         x.shortAt(0, 1, 0);
         into("2/3", x, FIRST, "0/1", "1500/1", "0/1");
         x.shortAt(2, 1, 1);
@@ -228,7 +230,8 @@ public final class ShortBoundsTest {
     }
 
     private static void voltages() {
-        Check.sentence("VOLTAGES of a node in that island; in other LIVE islands, and without a SHORT, V1 is E, V2 and V0 0");
+        Check.sentence("VOLTAGES of a node in that island; in other LIVE islands, and without a SHORT, V1 is E, V2 "
+                + "and V0 0");
         GridHouse x = Check.house(NET);
         String[] whole = {"0/1", "1000/1", "0/1", "1000000/1", "1000000/1"};
         for (int bar = 0; bar < 3; bar++) {

@@ -1,7 +1,7 @@
 /** Each boundary that the document names for nets' texts, objects and their fields: Terms and promises 1 to 14. */
 public final class TextBoundsTest {
-    private static final String[] KEYS = ("bar switch line machine load open closed no if and or not then close earth free "
-            + "tag untag it from to tagged live earthed joined lost over loops above below is").split(" ");
+    private static final String[] KEYS = ("bar switch line machine load open closed no if and or not then close "
+            + "earth free tag untag it from to tagged live earthed joined lost over loops above below is").split(" ");
     private static final String TWO = "bar a;bar b;";
     private static final String[] SORTS = {"bar ", "switch ", "line ", "machine ", "load "};
     private static final String[] TAILS = {";", " a b open 1;", " a b 1 1 1;", " a 1 1 1 1 1 1 1 1;", " a 1;"};
@@ -99,8 +99,8 @@ public final class TextBoundsTest {
 
     private static void places() {
         Check.sentence("those of a sort are numbered from 0 on as they are told");
-        GridHouse x = Check.house("bar z;load q z 5;bar a;line m a z 7 8 9;load p a 6;machine g a 1 1 1 1 1 1 1 1;bar b;"
-                + "switch s b a closed 3;line l z b 1 2 3;switch r z b open 4;");
+        GridHouse x = Check.house("bar z;load q z 5;bar a;line m a z 7 8 9;load p a 6;machine g a 1 1 1 1 1 1 1 1;"
+                + "bar b;switch s b a closed 3;line l z b 1 2 3;switch r z b open 4;");
         Check.is("find", Check.find(x, "z"), 0);
         Check.is("find", Check.find(x, "a"), 1);
         Check.is("find", Check.find(x, "b"), 2);
@@ -111,7 +111,8 @@ public final class TextBoundsTest {
         Check.is("find", Check.find(x, "g"), 300);
         Check.is("find", Check.find(x, "q"), 400);
         Check.is("find", Check.find(x, "p"), 401);
-        Check.sentence("A SWITCH joins two bars, its ends 0 and 1; a LINE goes from a bar (end 0) to another one (end 1)");
+        Check.sentence("A SWITCH joins two bars, its ends 0 and 1;"
+                + " a LINE goes from a bar (end 0) to another one (end 1)");
         Check.is("end 0", x.get(1, 0, 3), 2);
         Check.is("end 1", x.get(1, 0, 4), 1);
         Check.is("end 0", x.get(2, 0, 4), 1);
@@ -188,15 +189,17 @@ public final class TextBoundsTest {
 
     private static void names() {
         Check.sentence("NAMES words that begin with a letter, of 8 bytes at most, and are no KEYS");
-        for (String n : new String[] {"a", "z", "a0", "z9999999", "abcdefgh", "bars", "ba", "b", "switche", "opened", "i",
-            "isis", "ifs", "n", "tagge", "taggedx", "bar1", "machines", "loop", "earthe", "clos", "unknown", "of", "on"}) {
+        for (String n : new String[] {"a", "z", "a0", "z9999999", "abcdefgh", "bars", "ba", "b", "switche", "opened",
+            "i", "isis", "ifs", "n", "tagge", "taggedx", "bar1", "machines", "loop", "earthe", "clos", "unknown",
+            "of", "on"}) {
             GridHouse x = Check.house("bar " + n + ";");
             for (int k = 0; k <= n.length(); k++) {
                 Check.is("byte " + k + " of " + n, x.name(0, 0, k), k < n.length() ? n.charAt(k) : -1);
             }
             Check.is("find " + n, Check.find(x, n), 0);
         }
-        for (String n : new String[] {"abcdefghi", "abcdefgh1", "a23456789012345678", "1", "0a", "9", "A", "ab_c", "_"}) {
+        for (String n : new String[] {"abcdefghi", "abcdefgh1", "a23456789012345678", "1", "0a", "9", "A",
+            "ab_c", "_"}) {
             fault("bar " + n + ";", n.equals("ab_c") ? 6 : 4);
         }
         // behind eight more bytes the first eight are another name's
@@ -242,7 +245,8 @@ public final class TextBoundsTest {
             fault(head + "1" + tail, head.length());
             fault(head + "bar" + tail, head.length());
             fault(head + ";", head.length());
-            fault(TWO + "load p a 1;" + SORTS[sort] + "x p" + tail, (TWO + "load p a 1;" + SORTS[sort] + "x ").length());
+            fault(TWO + "load p a 1;" + SORTS[sort] + "x p" + tail, (TWO + "load p a 1;" + SORTS[sort]
+                    + "x ").length());
         }
         for (int sort = 1; sort < 3; sort++) {
             String head = TWO + SORTS[sort] + "x a ";
@@ -328,7 +332,8 @@ public final class TextBoundsTest {
     /** All words of a text, and each place at which it may end. */
     private static void ends() {
         Check.sentence("or the text's length, if it ends within a statement");
-        String text = "bar a ; bar b ; switch s a b open 1 ; line l a b 1 1 1 ; machine g a 1 1 1 1 1 1 1 1 ; load p a 1 ;";
+        String text = "bar a ; bar b ; switch s a b open 1 ; line l a b 1 1 1 ; machine g a 1 1 1 1 1 1 1 1 ;"
+                + " load p a 1 ;";
         int bars = 0;
         boolean within = false;
         for (int at = 0; at <= text.length(); at++) {
@@ -488,7 +493,8 @@ public final class TextBoundsTest {
         StringBuilder t = new StringBuilder(TWO);
         for (int sort = 0; sort < 5; sort++) {
             for (int i = sort == 0 ? 2 : 0; i < MOST[sort]; i++) {
-                t.append(SORTS[sort]).append("bslmo".charAt(sort)).append(i).append(TAILS[sort].replace("open", "closed"));
+                t.append(SORTS[sort]).append("bslmo".charAt(sort)).append(i).append(TAILS[sort].replace("open",
+                        "closed"));
             }
         }
         String small = "bar a;bar b;bar c;switch x a b open 1;line y a b 1 1 1;machine z a 1 1 1 1 1 1 1 1;load w a 1;";
@@ -586,7 +592,8 @@ public final class TextBoundsTest {
     }
 
     private static void finds() {
-        Check.sentence("Promise 7: THE TAPE, wholly, is the name of an object: 100 times its sort, and its number; NONE");
+        Check.sentence("Promise 7: THE TAPE, wholly, is the name of an object: 100 times its sort, and its number;"
+                + " NONE");
         String net = TWO + "bar abcdefgh;bar abc;switch s a b open 1;switch t a b open 1;line l a b 1 1 1;"
                 + "machine g a 1 1 1 1 1 1 1 1;machine h a 1 1 1 1 1 1 1 1;load p a 1;load q a 1;load r a 1;";
         String[] names = {"a", "b", "abcdefgh", "abc", "s", "t", "l", "g", "h", "p", "q", "r"};
@@ -600,8 +607,9 @@ public final class TextBoundsTest {
             }
         }
         GridHouse x = Check.house(net);
-        for (String none : new String[] {"", " ", "\0", "ab", "abcdefg", "abcdefghi", "aa", "a b", "A", "bar", "it", "1",
-            "abcdefghabcdefgh", "\0\0\0\0\0\0\0a", "\0\0\0\0\0\0\0\0a", "\u00ff\u00ff\u00ff\u00ff\u00ff\u00ff\u00ff\u00ff"}) {
+        for (String none : new String[] {"", " ", "\0", "ab", "abcdefg", "abcdefghi", "aa", "a b", "A", "bar", "it",
+            "1", "abcdefghabcdefgh", "\0\0\0\0\0\0\0a", "\0\0\0\0\0\0\0\0a",
+            "\u00ff\u00ff\u00ff\u00ff\u00ff\u00ff\u00ff\u00ff"}) {
             Check.is("find " + none, Check.find(x, none), -1);
             Check.is("the tape", x.count(9), 0);
         }
