@@ -29,6 +29,7 @@ public final class TextBoundsTest {
         netGoes();
         oldNames();
         feeds();
+        cuts();
         finds();
         counts();
         namesBytes();
@@ -589,6 +590,56 @@ public final class TextBoundsTest {
         Check.feed(z, ";");
         Check.is("a word is cut", z.net(), 1);
         Check.is("name", z.name(0, 0, 1), -1);
+    }
+
+    private static int netCut(String text, int n) {
+        GridHouse x = new GridHouse();
+        Check.feed(x, text);
+        x.end(n);
+        return x.net();
+    }
+
+    /** What was behind the cut is not read, not even where a word stood across it. */
+    private static void cuts() {
+        Check.sentence("Promise 3: THE TAPE is cut behind its first n bytes");
+        String text = "bar ab;bar cd;load ef cd 1234;";
+        int[] due = {0, -1, -1, -4, -5, -6, -7, 1, -8, -8, -11, -12, -13, -14, 2, -15, -15, -15, -19, -20, -21, -22, -23,
+            -23, -25, -26, -27, -28, -29, -30, 2};
+        for (int n = 0; n <= text.length(); n++) {
+            Check.is("net of the first " + n, netCut(text, n), due[n]);
+        }
+        GridHouse x = Check.house("bar ab;bar a;switch abc a ab open 1;");
+        String[] names = {"abc", "ab", "a"};
+        int[] found = {100, 0, 1};
+        for (int i = 0; i < 3; i++) {
+            Check.feed(x, "abcdefghijk");
+            x.end(names[i].length());
+            Check.is("find " + names[i], x.find(), found[i]);
+        }
+        Check.feed(x, "no tag if closed abcd;");
+        x.end(20);
+        Check.is("rules", x.rules(), -21);
+        Check.feed(x, "no tag if lost is 1234567;");
+        x.end(24);
+        Check.feed(x, ";");
+        Check.is("rules", x.rules(), 1);
+        Check.feed(x, "no tag if lost is 1234567;");
+        x.end(25);
+        Check.feed(x, ";");
+        Check.is("rules", x.rules(), -19);
+        Check.sentence("a word, a name, a number at the end of a full tape");
+        StringBuilder blank = new StringBuilder();
+        for (int i = 0; i < 4000; i++) {
+            blank.append(i % 2 == 0 ? ' ' : '\n');
+        }
+        String[] ends = {"bar", "bar abcdefgh", "bar a;load p a 123456", "bar a;load p a 9999;", "barr", "a;", ";"};
+        int[] answers = {-4001, -4001, -1 - 3994, 1, -1 - 3996, -1 - 3998, -4000};
+        for (int i = 0; i < ends.length; i++) {
+            String full = blank.substring(ends[i].length()) + ends[i];
+            Check.is("net of a full tape, " + ends[i], Check.net(new GridHouse(), full), answers[i]);
+        }
+        Check.is("a full tape of one word", Check.net(new GridHouse(), blank.toString().replaceAll("[ \n]", "a")), -1);
+        Check.is("a full tape without words", Check.net(new GridHouse(), blank.toString()), 0);
     }
 
     private static void finds() {
