@@ -213,6 +213,14 @@ public final class FlowBoundsTest {
             Check.is("figure 1", x.figure(part, 1), -1);
             Check.is("figure -1", x.figure(part, -1), -1);
         }
+        // a figure asked for ahead of figures()
+        x.angle(1);
+        Check.is("the highest figure", x.figure(0, 9), 9);
+        x.carries(1);
+        Check.is("the lowest figure below", x.figure(1, 0), 1);
+        x.angle(0);
+        Check.is("figure 0", x.figure(0, 0), 0);
+        Check.is("figure 1", x.figure(0, 1), -1);
         // figures of nothing but noughts below the highest, and a shorter number behind a longer one
         x.set(2, 1, 0, 0);
         x.set(2, 2, 0, 0);
