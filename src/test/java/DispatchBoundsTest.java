@@ -24,6 +24,8 @@ public final class DispatchBoundsTest {
         noPrices();
         nothing();
         manyMachines();
+        sixUnderLimits();
+        sixIslands();
         Check.close("DispatchBoundsTest");
     }
 
@@ -376,6 +378,68 @@ public final class DispatchBoundsTest {
         Check.is("none", x.dispatch(), 0);
         x.back(0);
         Check.is("one", x.dispatch(), 1);
+    }
+
+    /** The first and the last of six machines share what the lines let through. */
+    private static void sixUnderLimits() {
+        Check.sentence("MACHINES (6), under LIMITS");
+        StringBuilder t = new StringBuilder("bar a;bar b;bar c;line k a b 1 1 99;line l b c 1 1 99;line m a c 1 1 20;"
+                + "machine g0 a 1 1 0 100 1 100 1 1;");
+        for (int m = 1; m < 5; m++) {
+            t.append("machine g").append(m).append(" c 1 1 ").append(m).append(" ").append(m).append(" 9 9 9 1;");
+        }
+        t.append("machine g5 b 1 1 0 100 3 100 3 1;load p c 55;");
+        GridHouse x = Check.house(t.toString());
+        String[] due = {"15/1", "1/1", "2/1", "3/1", "4/1", "30/1"};
+        for (int m = 0; m < 6; m++) {
+            Check.makes("sets " + m, x, x.sets(m), 1, due[m]);
+        }
+        Check.makes("cost", x, x.cost(), 1, "195/1");
+        Check.makes("price", x, x.price(2), 1, "5/1");
+        x.set(3, 5, 6, 1);
+        x.set(3, 5, 8, 1);
+        due = new String[] {"0/1", "1/1", "2/1", "3/1", "4/1", "45/1"};
+        for (int m = 0; m < 6; m++) {
+            Check.makes("alike in cost: sets " + m, x, x.sets(m), m == 0 ? 0 : 1, due[m]);
+        }
+        x.set(2, 1, 3, 26);
+        Check.makes("l lets 26 through", x, x.sets(0), 1, "12/1");
+        Check.makes("l lets 26 through", x, x.sets(5), 1, "33/1");
+    }
+
+    /** Each machine in an island of its own, and all twenty lines. */
+    private static void sixIslands() {
+        Check.sentence("MACHINES (6), LINES (20), each island for itself");
+        StringBuilder t = new StringBuilder();
+        for (int b = 0; b < 12; b++) {
+            t.append("bar b").append(b).append(";");
+        }
+        for (int l = 0; l < 20; l++) {
+            int a = l % 6 * 2;
+            t.append("line l").append(l).append(" b").append(a).append(" b").append(a + 1).append(" 1 1 5;");
+        }
+        for (int m = 0; m < 6; m++) {
+            t.append("machine g").append(m).append(" b").append(2 * m).append(" 1 1 0 20 ").append(m).append(" 9 ")
+                    .append(m + 1).append(" 1;load p").append(m).append(" b").append(2 * m + 1).append(" ")
+                    .append(m < 2 ? 20 : 15).append(";");
+        }
+        GridHouse x = Check.house(t.toString());
+        Check.is("islands", x.count(11), 6);
+        int cost = 0;
+        for (int m = 0; m < 6; m++) {
+            int p = m < 2 ? 20 : 15;
+            cost += 9 * m + (p - 9) * (m + 1);
+            Check.makes("sets", x, x.sets(m), 1, p + "/1");
+        }
+        Check.makes("cost", x, x.cost(), 1, cost + "/1");
+        Check.makes("at the machine there is more", x, x.price(10), 1, "6/1");
+        Check.refuses("behind three full lines there is none", Check.STATE, () -> x.price(11));
+        Check.refuses("nor at a machine that gives all", Check.STATE, () -> x.price(0));
+        x.set(2, 19, 3, 4);
+        Check.is("island 1 has l1, l7, l13, l19", x.dispatch(), 0);
+        x.set(2, 19, 3, 5);
+        x.set(4, 5, 0, 16);
+        Check.is("16 over three lines of 5", x.dispatch(), 0);
     }
 
     private static void manyMachines() {

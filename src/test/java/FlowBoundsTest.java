@@ -415,6 +415,11 @@ public final class FlowBoundsTest {
         x.shortAt(0, 15, 0);
         // six machines of 60 are 10, the row is 112 and a half
         Check.makes("into", x, x.into(1), 1, "400/49");
+        x.shortOn(0, 14, 8, 0);
+        // the PLACE is a seventeenth node, half of 15 ahead of b15
+        Check.makes("into", x, x.into(1), 1, "200/23");
+        Check.makes("all of it by end 0", x, x.current(14, 0, 1), 1, "200/23");
+        Check.makes("at b15 as at the PLACE", x, x.voltage(15, 1), 0, "0/1");
         for (int l = 0; l < 15; l++) {
             x.meter(0, l, 12, 1);
         }
