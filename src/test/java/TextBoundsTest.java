@@ -603,8 +603,8 @@ public final class TextBoundsTest {
     private static void cuts() {
         Check.sentence("Promise 3: THE TAPE is cut behind its first n bytes");
         String text = "bar ab;bar cd;load ef cd 1234;";
-        int[] due = {0, -1, -1, -4, -5, -6, -7, 1, -8, -8, -11, -12, -13, -14, 2, -15, -15, -15, -19, -20, -21, -22, -23,
-            -23, -25, -26, -27, -28, -29, -30, 2};
+        int[] due = {0, -1, -1, -4, -5, -6, -7, 1, -8, -8, -11, -12, -13, -14, 2, -15, -15, -15, -19, -20, -21, -22,
+            -23, -23, -25, -26, -27, -28, -29, -30, 2};
         for (int n = 0; n <= text.length(); n++) {
             Check.is("net of the first " + n, netCut(text, n), due[n]);
         }
