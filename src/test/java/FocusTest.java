@@ -26,10 +26,10 @@ public final class FocusTest {
         int times = args.length > 1 ? Integer.parseInt(args[1]) : 1;
         String only = args.length > 2 ? args[2] : "";
         boolean tell = args.length > 3;
-        String[] names = {"flows", "estimates", "shorts", "runs", "dispatch", "restore", "orders", "widest"};
+        String[] names = {"flows", "estimates", "shorts", "runs", "dispatch", "ties", "restore", "orders", "widest"};
         Subject[] subjects = {FocusTest::flows, FocusTest::estimates, FocusTest::shorts, FocusTest::runs,
-            FocusTest::dispatches, FocusTest::restores, FocusTest::orders, FocusTest::widest};
-        int[] runs = {60, 60, 90, 80, 80, 60, 60, 32};
+            FocusTest::dispatches, FocusTest::ties, FocusTest::restores, FocusTest::orders, FocusTest::widest};
+        int[] runs = {60, 60, 90, 80, 80, 60, 60, 60, 32};
         int wrong = 0;
         for (int k = 0; k < subjects.length; k++) {
             for (int i = 0; i < runs[k] * times && wrong < 3 && names[k].startsWith(only); i++) {
@@ -219,15 +219,16 @@ public final class FocusTest {
     }
 
     private void runs() {
-        // each line has a switch of its own at both ends, on bars of their own
+        // with a unit of 10 much happens at one TIME; each line has switches of its own at both ends
+        int unit = one(2) ? 10 : 1;
         int n = 2 + upTo(2);
         int k = Math.min(6, n - 1 + upTo(2));
         bars(n + 2 * k);
         for (int i = 0; i < k; i++) {
             int a = i < n - 1 ? i : upTo(n - 1);
             int b = i < n - 1 ? i + 1 : (a + 1 + upTo(n - 2)) % n;
-            sw(a, n + 2 * i, !one(10), 1 + upTo(20));
-            sw(b, n + 2 * i + 1, !one(10), 1 + upTo(20));
+            sw(a, n + 2 * i, !one(10), unit * (1 + upTo(20 / unit)));
+            sw(b, n + 2 * i + 1, !one(10), unit * (1 + upTo(20 / unit)));
             line(n + 2 * i, n + 2 * i + 1, 1 + upTo(5), 1 + upTo(9), 100);
         }
         for (int i = upTo(1); i >= 0; i--) {
@@ -242,11 +243,11 @@ public final class FocusTest {
             int kind = upTo(1);
             pair.relay(l, end, one(6) ? upTo(switches - 1) : 2 * l + end, kind);
             for (int i = upTo(2); i >= 0; i--) {
-                pair.row(r, kind == 0 ? upTo(one(2) ? 100 : 400) : upTo(12), upTo(2) * upTo(40));
+                pair.row(r, kind == 0 ? upTo(one(2) ? 100 : 400) : upTo(12), unit * upTo(2) * upTo(40 / unit));
             }
         }
         for (int round = 0; round < 3 && pair.same; round++) {
-            pair.backup(one(3) ? 0 : upTo(40));
+            pair.backup(one(3) ? 0 : unit * upTo(40 / unit));
             pair.fails(upTo(switches - 1), !one(3));
             pair.begin();
             int time = 0;
@@ -299,6 +300,35 @@ public final class FocusTest {
             if (one(4)) {
                 pair.set(2, upTo(lines), 0, upTo(1));
                 pair.set(3, upTo(machines), 0, upTo(1));
+            }
+        }
+    }
+
+    /** Machines mostly alike in cost on a mesh whose limits go down and up about where there is just a dispatch. */
+    private void ties() {
+        joined(4 + upTo(5), 3 + upTo(4), 0, one(3) ? 99 : 3, 60);
+        int costs = upTo(2);
+        for (int i = 4 + upTo(2); i > 0; i--) {
+            int cost = upTo(costs);
+            machine(upTo(bars - 1), 1, 1, one(6) ? upTo(4) : 0, 10 + upTo(50), cost, upTo(40), cost + upTo(costs), 1);
+        }
+        for (int i = 1 + upTo(3); i >= 0; i--) {
+            load(upTo(bars - 1), upTo(25));
+        }
+        tell();
+        for (int round = 0; round < 12 && pair.same && lines > 0; round++) {
+            boolean isThere = pair.dispatch() == 1;
+            pair.cost();
+            for (int m = 0; m < machines && isThere; m++) {
+                pair.sets(m);
+            }
+            if (one(3)) {
+                pair.price(upTo(bars - 1));
+            }
+            for (int i = isThere ? 1 + upTo(1) : 3; i > 0; i--) {
+                int l = upTo(lines - 1);
+                int limit = pair.reference.get(2, l, 3);
+                pair.set(2, l, 3, isThere ? limit * 2 / 3 : limit * 2 + 3);
             }
         }
     }

@@ -1,5 +1,6 @@
 import java.util.ArrayDeque;
 import java.util.ArrayList;
+import java.util.Arrays;
 import java.util.Deque;
 import java.util.List;
 
@@ -43,6 +44,18 @@ final class Grid {
         g.shortPart = shortPart;
         g.shortZ = shortZ;
         return g;
+    }
+
+    /** All fields of all objects. */
+    String fields() {
+        StringBuilder t = new StringBuilder();
+        for (List<Thing> sort : things) {
+            t.append(sort.size());
+            for (Thing thing : sort) {
+                t.append(Arrays.toString(thing.f));
+            }
+        }
+        return t.toString();
     }
 
     List<Thing> bars() {

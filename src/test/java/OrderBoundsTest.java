@@ -281,6 +281,18 @@ public final class OrderBoundsTest {
         x = made(net, new int[] {3, 0, 9, 0}, new int[] {3, 0, 1, 1});
         compare(x, "over", 100);
         compare(x, "then over", 0);
+        // k and m are OVER in an island of their own
+        String over = "bar j;bar x;line k j x 1 1 2;line m j x 1 1 2;machine n j 1 1 0 9 1 1 1 1;load l x 6;";
+        x = made(net + over);
+        compare(x, "over", 2);
+        x = made(net + over, new int[] {4, 5, 0, 1});
+        Check.is("one STUCK", x.make().count(13), 1);
+        Check.is("two OVER beside it", x.make().count(14), 2);
+        compare(x, "over", 100);
+        compare(x, "then over", 100);
+        x = made(net + over, new int[] {4, 5, 0, 1}, new int[] {3, 0, 9, 0}, new int[] {3, 0, 1, 1});
+        Check.is("two STUCK", x.make().count(13), 2);
+        compare(x, "over", 100);
     }
 
     private static void loops() {
@@ -820,6 +832,18 @@ public final class OrderBoundsTest {
         Check.is("it stays with another net", x.step(2), 4);
         Check.is("a net with a fault", Check.net(x, "bar"), -4);
         Check.is("it stays", x.step(2), 4);
+        Check.is("rules", Check.rules(x, "no close if lost above 0;"), 1);
+        Check.is("order", Check.order(x, "tag s;"), 1);
+        Check.is("carry", x.carry(), 1);
+        x.rules();
+        x.keep(0);
+        x.back(0);
+        for (int n : new int[] {0, 4}) {
+            Check.refuses("restore", Check.ARGUMENT, () -> x.restore(n));
+        }
+        Check.is("it stays", x.step(2), 4);
+        Check.order(x, "untag s;");
+        x.carry();
         found(x, 1, 3);
         Check.is("net", Check.net(x, STAR), 6);
         Check.is("none since net()", x.step(0), -1);

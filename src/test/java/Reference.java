@@ -67,6 +67,8 @@ final class Reference {
 
     private StringBuilder tape = new StringBuilder();
     private Grid grid = new Grid();
+    private String dispatchedFor = "";
+    private Fraction[] dispatched;
     private final Grid[] kept = new Grid[3];
     private Fraction hand = Fraction.ZERO;
     private final List<Meter> meters = new ArrayList<>();
@@ -1082,26 +1084,36 @@ final class Reference {
 
     // dispatch
 
+    /** The dispatch of the net as it is, looked for again only when a field is another one. */
+    private Fraction[] dispatched() {
+        String fields = grid.fields();
+        if (!fields.equals(dispatchedFor)) {
+            dispatchedFor = fields;
+            dispatched = grid.dispatch(-1);
+        }
+        return dispatched;
+    }
+
     int dispatch() {
-        return grid.dispatch(-1) == null ? 0 : 1;
+        return dispatched() == null ? 0 : 1;
     }
 
     int cost() {
-        Fraction[] d = grid.dispatch(-1);
+        Fraction[] d = dispatched();
         state(d != null);
         return make(d[0]);
     }
 
     int sets(int machine) {
         need(has(3, machine));
-        Fraction[] d = grid.dispatch(-1);
+        Fraction[] d = dispatched();
         state(d != null);
         return make(d[1 + machine]);
     }
 
     int price(int bar) {
         need(has(0, bar));
-        Fraction[] d = grid.dispatch(-1);
+        Fraction[] d = dispatched();
         state(d != null);
         int[] islands = grid.islands();
         state(grid.isLive(islands, islands[bar]));

@@ -33,6 +33,11 @@ public final class RelayBoundsTest {
         secondLine();
         unknownInRun();
         newNets();
+        greaterPhase();
+        together();
+        staysClosed();
+        changes();
+        onlyAsks();
         Check.close("RelayBoundsTest");
     }
 
@@ -528,5 +533,193 @@ public final class RelayBoundsTest {
         Check.is("opened", x.opened(0, 0), -1);
         Check.is("opened", x.opened(0, 1), -1);
         Check.is("ordered", x.ordered(0), false);
+    }
+
+    private static void greaterPhase() {
+        Check.sentence("let u be the greater one of these squares, v the square of the same phase");
+        GridHouse x = Check.house(NET);
+        x.shortAt(2, 1, 0);
+        // nothing flows in phase a; v is 28 times u in phase b, in phase a 48 times that u
+        Check.makes("phase a", x, x.current(0, 0, 3), 0, "0/1");
+        Check.makes("phase b", x, x.current(0, 0, 4), 1, "62500/3");
+        Check.makes("phase b at a", x, x.voltage(0, 4), 1, "1750000/3");
+        Check.makes("phase a at a", x, x.voltage(0, 3), 1, "1000000/1");
+        x.relay(0, 0, 0, 1);
+        for (int setting = 4; setting <= 7; setting++) {
+            x.row(0, setting, 0);
+            Check.is("setting " + setting, x.met(0, setting - 4), setting >= 6);
+        }
+    }
+
+    /** The switches s and u open at one TIME, w gets its ORDER by a row of a line. */
+    private static GridHouse together(int line, int setting, int delay) {
+        GridHouse x = Check.house(AGAIN);
+        x.set(1, 1, 1, 10);
+        x.shortAt(0, 1, 0);
+        x.relay(0, 0, 0, 0);
+        x.row(0, 0, 0);
+        x.relay(0, 0, 1, 0);
+        x.row(1, 0, 0);
+        x.relay(line, 0, 2, 0);
+        x.row(2, setting, delay);
+        x.begin();
+        return x;
+    }
+
+    private static void together() {
+        Check.sentence("Looked at is at 0, and whenever a switch opened (behind all openings of that TIME)");
+        // in l 250 ahead of 10 and behind it, but 500/3 with one of both open
+        GridHouse x = together(0, 200, 12);
+        Check.is("two trips", x.run(9), 2);
+        Check.is("two openings", x.run(10), 2);
+        Check.is("not before", x.run(11), 0);
+        Check.is("MET SINCE 0", x.run(12), 1);
+        Check.is("ordered", x.ordered(2), true);
+        // in k 250 ahead of 10, and 0 behind it
+        for (int delay = 9; delay <= 11; delay++) {
+            GridHouse y = together(1, 200, delay);
+            Check.is("with delay " + delay, y.run(100), delay == 9 ? 6 : 4);
+            Check.is("ordered", y.ordered(2), delay == 9);
+        }
+        // 125 more when u alone is open: MET SINCE 10, or SINCE 0, which a look at 10 leaves
+        for (int setting : new int[] {249, 250}) {
+            GridHouse z = Check.house(AGAIN);
+            z.shortAt(0, 1, 0);
+            z.relay(0, 0, 1, 0);
+            z.row(0, 0, 0);
+            z.set(1, 1, 1, 10);
+            z.relay(0, 0, 2, 0);
+            z.row(1, setting, 30);
+            z.begin();
+            Check.is("the trip and the opening of u", z.run(29), 2);
+            Check.is("at 30", z.run(30), setting == 249 ? 1 : 0);
+            Check.is("at 40", z.run(40), 1);
+        }
+    }
+
+    private static void staysClosed() {
+        Check.sentence("if it FAILS, it does not open");
+        GridHouse x = Check.house("bar a;bar b;bar c;bar d;bar e;switch s a b closed 10;switch t b e closed 5;"
+                + "switch w c d closed 3;line l b c 2 2 1;machine g a 2 2 0 9 1 1 1 1;");
+        x.shortAt(0, 2, 0);
+        x.relay(0, 0, 0, 0);
+        x.row(0, 0, 0);
+        x.relay(0, 0, 2, 0);
+        x.row(1, 0, 1000);
+        x.fails(0, true);
+        x.backup(50);
+        x.begin();
+        Check.is("the ORDER, the BACKUP, and t opens", x.run(999), 3);
+        Check.is("w is not at a node of s", x.ordered(2), false);
+        Check.is("it flows in l as before", x.run(1000), 1);
+        Check.is("ordered", x.ordered(2), true);
+    }
+
+    private interface Deed {
+        void on(GridHouse x);
+    }
+
+    /** A RUN in which s has opened at 10 and u, w follow, and what is done in it. */
+    private static GridHouse within(Deed deed) {
+        GridHouse x = again(12);
+        x.keep(1);
+        Check.order(x, "open s;");
+        Check.is("begin", x.begin(), 3);
+        Check.is("run", x.run(10), 3);
+        deed.on(x);
+        return x;
+    }
+
+    private static void ends(String what, Deed deed) {
+        GridHouse x = within(deed);
+        Check.is("opened behind " + what, x.opened(0, 0), -1);
+        Check.is("ordered behind " + what, x.ordered(0), false);
+        Check.refuses("run behind " + what, Check.STATE, () -> x.run(40));
+    }
+
+    private static void changes() {
+        Check.sentence("A call that CHANGES THE NET ends the RUN, also one by which nothing is another");
+        ends("set()", x -> x.set(1, 0, 0, 1));
+        ends("set() of a line", x -> x.set(2, 0, 3, 1));
+        ends("set() of a machine", x -> x.set(3, 0, 6, 0));
+        ends("back()", x -> x.back(1));
+        ends("the same shortAt()", x -> x.shortAt(0, 1, 0));
+        ends("another shortAt()", x -> x.shortAt(1, 2, 3));
+        ends("shortOn()", x -> x.shortOn(0, 0, 8, 0));
+        ends("clearShort()", x -> x.clearShort());
+        ends("relay()", x -> x.relay(0, 0, 0, 0));
+        ends("row()", x -> x.row(0, 99999, 9999999));
+        ends("fails()", x -> x.fails(2, true));
+        ends("the same fails()", x -> x.fails(0, false));
+        ends("backup()", x -> x.backup(5));
+        ends("the same backup()", x -> x.backup(100000));
+        ends("the same net()", x -> Check.net(x, AGAIN));
+        ends("a net() without objects", x -> x.net());
+        ends("carry()", x -> x.carry());
+    }
+
+    private static void goesOn(String what, Deed deed) {
+        GridHouse x = within(deed);
+        Check.is("opened behind " + what, x.opened(0, 1), 10);
+        Check.is("ordered behind " + what, x.ordered(0), true);
+        Check.is("run behind " + what, x.run(40), 3);
+    }
+
+    private static void onlyAsks() {
+        Check.sentence("A call that CHANGES THE NET ends the RUN; no other one does, and with a FAULT, or refused, none");
+        goesOn("net() with a FAULT", x -> Check.net(x, AGAIN + "bar"));
+        goesOn("rules()", x -> Check.rules(x, "no open if live it from;no open if lost is 0;"));
+        goesOn("rules() with a FAULT", x -> Check.rules(x, "no"));
+        goesOn("order()", x -> Check.order(x, "open s;open u;"));
+        goesOn("find()", x -> Check.find(x, "s"));
+        goesOn("keep()", x -> x.keep(1));
+        goesOn("meter()", x -> x.meter(0, 0, 1, 1));
+        goesOn("strike()", x -> {
+            x.meter(0, 0, 1, 1);
+            x.strike(0, true);
+            x.worst();
+            x.seen(1);
+        });
+        goesOn("carry() of no step", x -> {
+            Check.order(x, "close s;open s;");
+            Check.is("carry", x.carry(), 0);
+        });
+        goesOn("carry() of an empty order", x -> {
+            x.order();
+            Check.is("carry", x.carry(), 0);
+        });
+        goesOn("what is asked of flows", x -> {
+            x.screen();
+            x.count(14);
+            x.bar(1, 4);
+            x.angle(1);
+            x.carries(0);
+            x.gives(0);
+        });
+        goesOn("what is asked of the SHORT", x -> {
+            x.into(1);
+            x.voltage(1, 3);
+            x.current(0, 0, 4);
+            x.met(0, 0);
+        });
+        goesOn("what is asked of dispatch and order", x -> {
+            x.dispatch();
+            x.cost();
+            x.sets(0);
+            x.barred(0);
+            x.restore(3);
+            x.step(0);
+        });
+        goesOn("what is refused", x -> {
+            Check.refuses("set", Check.ARGUMENT, () -> x.set(1, 0, 0, 3));
+            Check.refuses("back", Check.STATE, () -> x.back(0));
+            Check.refuses("shortAt", Check.ARGUMENT, () -> x.shortAt(4, 0, 0));
+            Check.refuses("shortOn", Check.ARGUMENT, () -> x.shortOn(0, 0, 16, 0));
+            Check.refuses("relay", Check.ARGUMENT, () -> x.relay(0, 0, 0, 2));
+            Check.refuses("row", Check.ARGUMENT, () -> x.row(0, -1, 0));
+            Check.refuses("fails", Check.INDEX, () -> x.fails(3, true));
+            Check.refuses("backup", Check.ARGUMENT, () -> x.backup(-1));
+            Check.refuses("run", Check.ARGUMENT, () -> x.run(9));
+        });
     }
 }
