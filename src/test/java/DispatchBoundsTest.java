@@ -18,6 +18,7 @@ public final class DispatchBoundsTest {
         islands();
         ties();
         tiesUnderLimits();
+        tiesByWays();
         backAgain();
         prices();
         fractionsOfPrices();
@@ -261,6 +262,43 @@ public final class DispatchBoundsTest {
     }
 
     /** Parts that the cheapest row without LIMITS takes whole have to be given back. */
+    /** Of what f gives 2/3 go over l, of what h gives 1/3; g is where the load is. All cost the same. */
+    private static void tiesByWays() {
+        Check.sentence("of these with the least p of the first machine that is ON, of these with the least of the second"
+                + " one: by what relieves the line most");
+        String net = "bar a;bar b;bar c;line l b a 1 1 8;line k b c 1 1 99;line m c a 1 1 99;load p a 30;";
+        String g = "machine g a 1 1 0 30 1 1 1 1;";
+        String f = "machine f b 1 1 0 10 1 1 1 1;";
+        String h = "machine h c 1 1 0 10 1 1 1 1;";
+        given(Check.house(net + g + f + h), "13/1", "7/1", "10/1");
+        given(Check.house(net + g + h + f), "13/1", "10/1", "7/1");
+        given(Check.house(net + f + g + h), "0/1", "20/1", "10/1");
+        given(Check.house(net + h + g + f), "0/1", "20/1", "10/1");
+        given(Check.house(net + f + h + g), "0/1", "0/1", "30/1");
+        int[] limits = {5, 3, 10, 0};
+        String[][] due = {{"35/2", "5/2", "10/1"}, {"21/1", "0/1", "9/1"}, {"10/1", "10/1", "10/1"}, {"30/1", "0/1", "0/1"}};
+        for (int i = 0; i < limits.length; i++) {
+            GridHouse x = Check.house(net + g + f + h);
+            x.set(2, 0, 3, limits[i]);
+            given(x, due[i]);
+            Check.makes("cost", x, x.cost(), 1, "30/1");
+            Check.makes("price", x, x.price(1), 1, "1/1");
+        }
+        // a machine ahead of them that has nothing to choose leaves the choice to the second one
+        GridHouse y = Check.house(net + "machine o b 1 1 0 0 1 1 1 1;" + g + f + h);
+        String[] second = {"0/1", "13/1", "7/1", "10/1"};
+        for (int i = 0; i < second.length; i++) {
+            Check.makes("sets " + i, y, y.sets(i), i == 0 ? 0 : 1, second[i]);
+        }
+        y.set(3, 0, 5, 2);
+        y.set(3, 0, 4, 2);
+        // 4/3 of its 2 go over l
+        String[] ahead = {"2/1", "13/1", "5/1", "10/1"};
+        for (int i = 0; i < ahead.length; i++) {
+            Check.makes("sets " + i, y, y.sets(i), 1, ahead[i]);
+        }
+    }
+
     private static void backAgain() {
         Check.sentence("THE DISPATCH is that of all with the least COST in all");
         int[][] due = {{100, 105, 5}, {45, 105, 5}, {30, 105, 5}, {16, 105, 5}, {15, 105, 5}, {14, 106, 4}, {1, 119, 4},

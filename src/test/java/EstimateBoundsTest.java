@@ -159,6 +159,24 @@ public final class EstimateBoundsTest {
         Check.makes("d is one with c", y, y.estimate(3), -1, "9/1");
         y.set(1, 0, 0, 2);
         Check.makes("not by an unknown switch", y, y.estimate(3), 0, "0/1");
+        // 6 flow over l to b, 4 away from c over k
+        GridHouse z = Check.house("bar a;bar b;bar c;bar d;switch s b c closed 1;line l a b 1 1 9;line k c d 1 1 9;");
+        z.meter(2, 2, -6, 1);
+        z.meter(2, 3, -10, 1);
+        int[][] shown = {{1, 1, -2}, {1, 2, -2}, {1, 0, 6}, {1, 3, -4}, {2, 1, -6}, {0, 0, 6}, {0, 1, 4}};
+        for (int[] m : shown) {
+            int meter = z.meter(m[0], m[1], 0, 1);
+            z.strike(meter, true);
+            Check.makes("v less what it shows", z, z.rest(meter, 0), Integer.signum(-m[2]), Math.abs(m[2]) + "/1");
+        }
+        // with b and c alike the sum of their node tells what is asked of both
+        z.strike(0, true);
+        z.strike(2, false);
+        Check.is("WHOLE by the sum at the node and d", z.seen(1), 2);
+        Check.makes("0 by it, with d -10: b is halfway", z, z.estimate(1), -1, "5/1");
+        z.set(1, 0, 0, 0);
+        Check.is("b without c", z.seen(1), 2);
+        Check.makes("0 by the sum at b", z, z.estimate(1), 0, "0/1");
     }
 
     private static void islands() {

@@ -14,6 +14,7 @@ public final class FlowBoundsTest {
         fractionsOver();
         dead();
         hand();
+        handStays();
         figures();
         screened();
         stuckMore();
@@ -186,6 +187,45 @@ public final class FlowBoundsTest {
         x.set(4, 0, 0, 8);
         Check.makes("6/1", x, x.carries(0), 1, "6/1");
         Check.makes("2/1", x, x.carries(1), -1, "2/1");
+    }
+
+    private static void handStays() {
+        Check.sentence("A call that MAKES one puts it in hand (it stays till another one is made)");
+        GridHouse x = Check.house("bar a;bar b;bar c;switch s a b open 1;line l a b 3 1 5;line k b a 4 1 5;"
+                + "machine g a 1 1 0 99 1 1 1 1;load p b 6;load q c 1;");
+        x.meter(2, 1, 5, 1);
+        x.meter(2, 1, 7, 1);
+        x.shortAt(0, 1, 0);
+        x.relay(0, 0, 0, 0);
+        x.row(0, 0, 0);
+        Check.rules(x, "no tag if lost is 1;");
+        Check.order(x, "close s;");
+        Check.makes("angle", x, x.angle(1), -1, "72/7");
+        Pair.Deed[] deeds = {() -> x.worst(), () -> x.seen(1), () -> x.strike(0, true), () -> x.meter(0, 0, 9, 1),
+            () -> x.screen(), () -> x.trouble(0, 0), () -> x.count(14), () -> x.bar(0, 4), () -> x.met(0, 0),
+            () -> x.begin(), () -> x.run(5), () -> x.opened(0, 1), () -> x.ordered(0), () -> x.dispatch(),
+            () -> x.barred(1), () -> x.restore(3), () -> x.step(0), () -> x.get(3, 0, 5), () -> x.set(3, 0, 5, 98),
+            () -> x.keep(1), () -> x.back(1), () -> x.name(0, 0, 0), () -> x.carry(), () -> x.fails(0, true),
+            () -> x.backup(7), () -> x.relay(1, 1, 0, 1), () -> x.row(1, 3, 3), () -> x.shortOn(1, 0, 5, 5),
+            () -> x.shortAt(1, 1, 5), () -> x.clearShort(), () -> x.figures(0), () -> x.figure(1, 0),
+            () -> Check.rules(x, "no"), () -> Check.order(x, ""), () -> Check.find(x, "a"), () -> Check.net(x, "bar")};
+        for (int i = 0; i < deeds.length; i++) {
+            deeds[i].go();
+            Check.inHand("behind deed " + i, x, "72/7");
+        }
+        GridHouse y = Check.house("bar a;bar b;bar c;line l a b 3 1 5;line k b a 4 1 5;machine g a 1 1 0 6 1 1 1 1;"
+                + "load p b 6;");
+        y.meter(2, 1, 5, 1);
+        y.strike(0, true);
+        Check.makes("angle", y, y.angle(1), -1, "72/7");
+        Pair.Deed[] refused = {() -> y.estimate(1), () -> y.rest(0, 0), () -> y.rest(0, 1), () -> y.price(1),
+            () -> y.price(2), () -> y.price(3), () -> y.sets(1), () -> y.angle(-1), () -> y.carries(2),
+            () -> y.gives(1), () -> y.into(3), () -> y.voltage(0, 5), () -> y.current(0, 2, 0)};
+        for (int i = 0; i < refused.length; i++) {
+            int k = i;
+            Check.refuses("call " + i, i < 5 ? Check.STATE : i < 10 ? Check.INDEX : Check.ARGUMENT, () -> refused[k].go());
+            Check.inHand("behind call " + i, y, "72/7");
+        }
     }
 
     private static void figures() {

@@ -34,6 +34,7 @@ public final class TextBoundsTest {
         counts();
         namesBytes();
         sets();
+        onlyOne();
         keeps();
         nodes();
         calls();
@@ -756,6 +757,52 @@ public final class TextBoundsTest {
         Check.is("the run goes on", x.run(0) >= 0, true);
         Check.is("set", x.set(1, 0, 0, 0), 0);
         Check.refuses("the run ended", Check.STATE, () -> x.run(0));
+    }
+
+    /** All FIELDS of all objects. */
+    private static int[] fields(GridHouse x) {
+        int[] all = new int[80];
+        int[] width = {1, 5, 6, 11, 2};
+        int n = 0;
+        for (int sort = 0; sort < width.length; sort++) {
+            for (int i = 0; i < x.count(sort); i++) {
+                for (int field = 0; field < width[sort]; field++) {
+                    all[n] = x.get(sort, i, field);
+                    n++;
+                }
+            }
+        }
+        return all;
+    }
+
+    private static void onlyOne() {
+        Check.sentence("Promise 11: a FIELD becomes v, and no other one another");
+        int[][] sets = {{1, 0, 1}, {1, 0, 2}, {1, 1, 7}, {2, 0, 0}, {2, 1, 9}, {2, 2, 9}, {2, 3, 9}, {3, 0, 0}, {3, 1, 9},
+            {3, 2, 9}, {3, 3, 9}, {3, 4, 0}, {3, 4, 200}, {3, 5, 5}, {3, 5, 9999}, {3, 6, 0}, {3, 6, 7}, {3, 7, 9},
+            {3, 7, 0}, {3, 8, 3}, {3, 8, 999}, {3, 9, 9}, {4, 0, 9}};
+        for (int[] f : sets) {
+            for (int i = 0; i < (f[0] == 1 || f[0] == 4 ? 2 : 1); i++) {
+                GridHouse x = filled();
+                int was = x.get(f[0], i, f[1]);
+                int[] before = fields(x);
+                x.set(f[0], i, f[1], f[2]);
+                Check.is("get", x.get(f[0], i, f[1]), f[2]);
+                int[] behind = fields(x);
+                int others = 0;
+                for (int k = 0; k < before.length; k++) {
+                    others += before[k] == behind[k] ? 0 : 1;
+                }
+                Check.is("how many are others by " + f[0] + " " + f[1] + " " + f[2], others, was == f[2] ? 0 : 1);
+            }
+        }
+        GridHouse y = filled();
+        y.set(3, 0, 0, 0);
+        y.set(3, 0, 1, 77);
+        y.set(3, 0, 0, 1);
+        Check.is("ON again it has the MW that it had", y.get(3, 0, 1), 77);
+        y.set(3, 0, 4, 100);
+        y.set(3, 0, 5, 100);
+        Check.is("LO and HI leave its MW", y.get(3, 0, 1), 77);
     }
 
     private static void keeps() {
