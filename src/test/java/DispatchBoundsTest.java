@@ -264,8 +264,8 @@ public final class DispatchBoundsTest {
     /** Parts that the cheapest row without LIMITS takes whole have to be given back. */
     /** Of what f gives 2/3 go over l, of what h gives 1/3; g is where the load is. All cost the same. */
     private static void tiesByWays() {
-        Check.sentence("of these with the least p of the first machine that is ON, of these with the least of the second"
-                + " one: by what relieves the line most");
+        Check.sentence("of these with the least p of the first machine that is ON, of these with the least of the "
+                + "second one: by what relieves the line most");
         String net = "bar a;bar b;bar c;line l b a 1 1 8;line k b c 1 1 99;line m c a 1 1 99;load p a 30;";
         String g = "machine g a 1 1 0 30 1 1 1 1;";
         String f = "machine f b 1 1 0 10 1 1 1 1;";
@@ -276,7 +276,8 @@ public final class DispatchBoundsTest {
         given(Check.house(net + h + g + f), "0/1", "20/1", "10/1");
         given(Check.house(net + f + h + g), "0/1", "0/1", "30/1");
         int[] limits = {5, 3, 10, 0};
-        String[][] due = {{"35/2", "5/2", "10/1"}, {"21/1", "0/1", "9/1"}, {"10/1", "10/1", "10/1"}, {"30/1", "0/1", "0/1"}};
+        String[][] due = {{"35/2", "5/2", "10/1"}, {"21/1", "0/1", "9/1"}, {"10/1", "10/1", "10/1"},
+            {"30/1", "0/1", "0/1"}};
         for (int i = 0; i < limits.length; i++) {
             GridHouse x = Check.house(net + g + f + h);
             x.set(2, 0, 3, limits[i]);

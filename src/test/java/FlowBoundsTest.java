@@ -223,7 +223,8 @@ public final class FlowBoundsTest {
             () -> y.gives(1), () -> y.into(3), () -> y.voltage(0, 5), () -> y.current(0, 2, 0)};
         for (int i = 0; i < refused.length; i++) {
             int k = i;
-            Check.refuses("call " + i, i < 5 ? Check.STATE : i < 10 ? Check.INDEX : Check.ARGUMENT, () -> refused[k].go());
+            String due = i < 5 ? Check.STATE : i < 10 ? Check.INDEX : Check.ARGUMENT;
+            Check.refuses("call " + i, due, () -> refused[k].go());
             Check.inHand("behind call " + i, y, "72/7");
         }
     }

@@ -666,7 +666,7 @@ public final class RelayBoundsTest {
     }
 
     private static void onlyAsks() {
-        Check.sentence("A call that CHANGES THE NET ends the RUN; no other one does, and with a FAULT, or refused, none");
+        Check.sentence("A call that CHANGES THE NET ends the RUN; no other one does, nor one with a FAULT, or refused");
         goesOn("net() with a FAULT", x -> Check.net(x, AGAIN + "bar"));
         goesOn("rules()", x -> Check.rules(x, "no open if live it from;no open if lost is 0;"));
         goesOn("rules() with a FAULT", x -> Check.rules(x, "no"));
